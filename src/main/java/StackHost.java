@@ -1831,6 +1831,8 @@ public final class StackHost {
                 return NONE;
             }
             int had = memory.pageCount;
+            // All at once, lest the row be copied again for every page.
+            words.makeRoom(words.size + (int) more * PAGE_WORDS);
             for (int k = 0; k < more; k++) {
                 memory.slots[had + k] = usedPages();
                 words.addMany(PAGE_WORDS, 0);
@@ -2065,7 +2067,10 @@ public final class StackHost {
 
         private void step() {
             int instruction = code[at] & 255;
-            if (instruction >= 0x8B) {
+            if (instruction >= 0xA7) {
+                convert(instruction);
+                at++;
+            } else if (instruction >= 0x8B) {
                 reckonFloating(instruction);
                 at++;
             } else if (instruction >= 0x45) {
@@ -2239,10 +2244,6 @@ public final class StackHost {
         }
 
         private void reckonFloating(int instruction) {
-            if (instruction >= 0xA7) {
-                convert(instruction);
-                return;
-            }
             boolean isDouble = instruction >= 0x99;
             Format format = isDouble ? doubles : singles;
             int which = instruction - (isDouble ? 0x99 : 0x8B);
