@@ -81,10 +81,15 @@ public final class NumbersTest {
             numbers[k] = Kit.count(k);
             exports[k] = Kit.export("e" + k, 0, k);
             byte[] second = group[1] == 1 ? Kit.bytes() : Kit.bytes(0x20, 1);
-            bodies[k] = Kit.body(0x20, 0, second, 0x45 + k);
+            // Another operand below must not be touched, nor taken for the one above; 0x0F leaves it behind.
+            bodies[k] = Kit.body(constant(group[2]), 0x20, 0, second, 0x45 + k, 0x0F);
         }
         return Kit.module(Kit.sectionOf(1, types), Kit.sectionOf(3, numbers), Kit.sectionOf(7, exports),
                 Kit.sectionOf(10, bodies));
+    }
+
+    private static byte[] constant(int type) {
+        return type == I ? Kit.i32(77) : type == L ? Kit.i64(77) : type == F ? Kit.f32(77) : Kit.f64(77);
     }
 
     private static void oneTaken(int op, int type) {

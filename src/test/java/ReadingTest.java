@@ -47,6 +47,7 @@ public final class ReadingTest {
         Kit.faults("left over", Kit.module(1, 2, 0, 0), 7, 11);
         Kit.faults("left over in section 8", Kit.module(8, 2, 0, 0), 7, 11);
         Kit.faults("nothing in a section", Kit.module(1, 0), 2, 10);
+        Kit.faults("nothing in a section, and another one", Kit.module(1, 0, 2, 1, 0), 2, 10);
         Kit.faults("a row that the section cuts", Kit.module(1, 1, 1, 96, 0, 0), 2, 11);
         Kit.faults("no bodies", Kit.module(Kit.sectionOf(1, VOID_TYPE), 3, 2, 1, 0), 8, 18);
         Kit.faults("a body too many", Kit.module(10, 4, 1, 2, 0, 11), 8, 14);

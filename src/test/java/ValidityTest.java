@@ -229,6 +229,8 @@ public final class ValidityTest {
         plain("0x05 with one too many", 21, 6, Kit.i32(0), 4, 64, Kit.i32(0), 5, 11);
         plain("the end behind 0x05 takes the result", 21, 7, Kit.i32(0), 4, I, Kit.i32(0), 5, 11, 0x1A);
         plain("behind 0x05 nothing is dead", 21, 6, Kit.i32(0), 4, 64, 0, 5, 0x1A, 11);
+        right("0x04 and 0x05 above an operand", Kit.i64(0), Kit.i32(0), 4, I, Kit.i32(0), 5, Kit.i32(0), 11, 0x1A, 0x1A);
+        plain("0x04 leaves what is below", 21, 6, Kit.i64(0), Kit.i32(0), 4, 64, 0x1A, 5, 11, 0x1A);
         right("0x04 dead on both sides", Kit.i32(0), 4, I, 0, 5, 0, 11, 0x1A);
         plain("a 0x04 with a result that is dead, without 0x05", 21, 5, Kit.i32(0), 4, I, 0, 11, 0x1A);
     }
