@@ -173,7 +173,7 @@ public final class MemoryTest {
     private static byte[] grower(int... limits) {
         return Kit.module(Kit.sectionOf(1, Kit.type(Kit.of(I), I)), 3, 3, 2, 0, 0, Kit.section(5, 1, Kit.bytes(limits)),
                 Kit.sectionOf(7, Kit.export("g", 0, 0), Kit.export("s", 0, 1)),
-                Kit.sectionOf(10, Kit.body(0x20, 0, 0x40, 0), Kit.body(0x3F, 0)));
+                Kit.sectionOf(10, Kit.body(Kit.i32(500), 0x20, 0, 0x40, 0, 0x0F), Kit.body(Kit.i32(500), 0x3F, 0, 0x0F)));
     }
 
     private static void grows(StackHost x, int made, long by, long due) {
