@@ -2357,28 +2357,46 @@ public final class StackHost {
                 case 0: return first == last;
                 case 1: return first != last;
                 case 2: return first < last;
-                case 3: return Long.compareUnsigned(first, last) < 0;
+                case 3: return isBelow(first, last);
                 case 4: return first > last;
-                case 5: return Long.compareUnsigned(first, last) > 0;
+                case 5: return isBelow(last, first);
                 case 6: return first <= last;
-                case 7: return Long.compareUnsigned(first, last) <= 0;
+                case 7: return !isBelow(last, first);
                 case 8: return first >= last;
-                default: return Long.compareUnsigned(first, last) >= 0;
+                default: return !isBelow(first, last);
             }
+        }
+
+        /** Both without a sign: with the highest bit turned over, their order is the one with a sign. */
+        private static boolean isBelow(long first, long last) {
+            return (first ^ LEAST_LONG) < (last ^ LEAST_LONG);
+        }
+
+        /** How many bits 0 there are above the highest 1, of 0 all 64. */
+        static int zerosAbove(long number) {
+            long rest = number;
+            int zeros = 0;
+            for (int width = 32; width > 0; width >>= 1) {
+                if (rest >>> (64 - width) == 0) {
+                    rest <<= width;
+                    zeros += width;
+                }
+            }
+            return number == 0 ? 64 : zeros;
         }
 
         static int countShort(int which, int number) {
             switch (which) {
-                case 0: return Integer.numberOfLeadingZeros(number);
-                case 1: return Integer.numberOfTrailingZeros(number);
+                case 0: return zerosAbove(number & UNSIGNED) - 32;
+                case 1: return Integer.bitCount(~number & (number - 1));
                 default: return Integer.bitCount(number);
             }
         }
 
         static int countLong(int which, long number) {
             switch (which) {
-                case 0: return Long.numberOfLeadingZeros(number);
-                case 1: return Long.numberOfTrailingZeros(number);
+                case 0: return zerosAbove(number);
+                case 1: return Long.bitCount(~number & (number - 1));
                 default: return Long.bitCount(number);
             }
         }
@@ -2439,10 +2457,24 @@ public final class StackHost {
         private static long divideLong(int which, long first, long last) {
             switch (which) {
                 case 3: return first / last;
-                case 4: return Long.divideUnsigned(first, last);
+                case 4: return quotient(first, last);
                 case 5: return first % last;
-                default: return Long.remainderUnsigned(first, last);
+                default: return first - quotient(first, last) * last;
             }
+        }
+
+        /** Of two numbers without a sign; the last is not 0. */
+        private static long quotient(long first, long last) {
+            if (last <= 0) {
+                return first < 0 && first >= last ? 1 : 0;
+            }
+            if (first >= 0) {
+                return first / last;
+            }
+            // Half of it is read alike with a sign and without; twice its quotient is at most 1 too low.
+            long low = (first >>> 1) / last << 1;
+            long rest = first - low * last;
+            return rest < 0 || rest >= last ? low + 1 : low;
         }
     }
 
@@ -2498,7 +2530,7 @@ public final class StackHost {
             long magnitude = number & (sign - 1);
             long hidden = 1L << (precision - 1);
             if (magnitude < hidden) {
-                return magnitude << Long.numberOfLeadingZeros(magnitude) - (64 - precision);
+                return magnitude << Whole.zerosAbove(magnitude) - (64 - precision);
             }
             return magnitude & (hidden - 1) | hidden;
         }
@@ -2507,7 +2539,7 @@ public final class StackHost {
             long magnitude = number & (sign - 1);
             int field = (int) (magnitude >>> (precision - 1));
             // A number too small for the usual form has leading zeros, which the mantissa has not.
-            int lack = field > 0 ? 0 : Long.numberOfLeadingZeros(magnitude) - (64 - precision);
+            int lack = field > 0 ? 0 : Whole.zerosAbove(magnitude) - (64 - precision);
             return Math.max(1, field) - bias - (precision - 1) - lack;
         }
 
@@ -2516,7 +2548,7 @@ public final class StackHost {
          * below it, if it has two bits more than the precision.
          */
         private long nearest(boolean negative, int exponent, long significand) {
-            int up = Long.numberOfLeadingZeros(significand) - 1;
+            int up = Whole.zerosAbove(significand) - 1;
             long bits = significand << up;
             int field = exponent - up + 62 + bias;
             long signBit = negative ? sign : 0;
@@ -2777,9 +2809,7 @@ public final class StackHost {
             if (!withSign) {
                 fits = negative ? whole == 0 : bits == 64 || whole >>> 32 == 0;
             } else {
-                long limit = 1L << (bits - 1);
-                int order = Long.compareUnsigned(whole, limit);
-                fits = negative ? order <= 0 : order < 0;
+                fits = whole >>> (bits - 1) == 0 || negative && whole == 1L << (bits - 1);
             }
             return fits ? 0 : 4;
         }
@@ -2790,8 +2820,10 @@ public final class StackHost {
             if (power < 0) {
                 return 0;
             }
+            long hidden = 1L << (precision - 1);
+            long significand = number & (hidden - 1) | hidden;
             int above = power - (precision - 1);
-            return above >= 0 ? mantissa(number) << above : mantissa(number) >>> -above;
+            return above >= 0 ? significand << above : significand >>> -above;
         }
 
         long ofWhole(long number, boolean withSign) {

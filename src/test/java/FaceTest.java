@@ -10,6 +10,8 @@ import java.util.HashSet;
 import java.util.List;
 import java.util.Set;
 import java.util.TreeSet;
+import java.util.regex.Matcher;
+import java.util.regex.Pattern;
 
 /** The public face, and the rules of LANGUAGE.md that can be looked at from outside: 1, 2, 4, 5, 6, 10 and 11. */
 public final class FaceTest {
@@ -19,10 +21,17 @@ public final class FaceTest {
         "long result()", "int trap(int)", "int pages(int)", "int peek(int,int)", "void poke(int,int,int)",
         "long variable(int,int)", "int element(int,int)", "int wrong()", "int outs()", "long out(int)", "int clear()"};
 
+    /** Of rule 4 only what it names: which others are "their like" is not for this project to say. */
+    private static final Set<String> LIBRARY = Set.of("Arrays.copyOf", "Arrays.copyOfRange", "Arrays.fill",
+        "System.arraycopy", "Integer.compare", "Integer.max", "Integer.min", "Integer.bitCount", "Long.compare", "Long.max",
+        "Long.min", "Long.bitCount", "Math.max", "Math.min", "Math.abs", "Math.floorDiv", "Math.floorMod");
+    private static final Pattern OF_A_CLASS = Pattern.compile("\\b([A-Z]\\w*[a-z]\\w*)\\s*\\.\\s*(\\w+)");
+
     public static void main(String[] args) throws IOException {
         theFace();
         theClassesInside();
         theText();
+        theLibrary();
         Kit.close();
     }
 
@@ -101,6 +110,20 @@ public final class FaceTest {
                     right("a plain character in: " + line, false);
                 }
             }
+        }
+    }
+
+    private static void theLibrary() throws IOException {
+        String text = Files.readString(Path.of("src/main/java/StackHost.java"));
+        Set<String> own = new HashSet<>();
+        for (Class<?> one : StackHost.class.getDeclaredClasses()) {
+            own.add(one.getSimpleName());
+        }
+        String code = text.replaceAll("(?s)/\\*.*?\\*/|//[^\n]*|\"[^\"]*\"", " ");
+        Matcher found = OF_A_CLASS.matcher(code);
+        while (found.find()) {
+            String name = found.group(1) + "." + found.group(2);
+            right("of the library: " + name, own.contains(found.group(1)) || LIBRARY.contains(name));
         }
     }
 }
