@@ -1,5 +1,8 @@
 import java.io.ByteArrayOutputStream;
+import java.io.IOException;
 import java.nio.charset.StandardCharsets;
+import java.nio.file.Files;
+import java.nio.file.Path;
 
 /** What the tests share: counting wrong answers, writing modules as bytes, and feeding them to a host. */
 final class Kit {
@@ -9,8 +12,14 @@ final class Kit {
     static final int D = 124;
     static final int VOID = 64;
 
+    private static final Path DOCUMENT = Path.of("../shared/DOC.md");
+
     private static int checks = 0;
     private static int wrong = 0;
+    private static int sentences = 0;
+    private static String sentence = "";
+    private static int checksBefore = 0;
+    private static String document = null;
 
     private Kit() {
     }
@@ -20,11 +29,46 @@ final class Kit {
         void go();
     }
 
+    /**
+     * The words of the document that the checks from here on stand for. They must still be in it, lest a test outlive
+     * its sentence, and each must have a check.
+     */
+    static void sentence(String words) {
+        leaveSentence();
+        sentence = words;
+        sentences++;
+        checksBefore = checks;
+        if (!document().isEmpty() && !document().contains(words)) {
+            say("these words are not in the document");
+        }
+    }
+
+    private static void leaveSentence() {
+        if (!sentence.isEmpty() && checks == checksBefore) {
+            say("nothing is checked");
+        }
+    }
+
+    private static String document() {
+        if (document == null) {
+            try {
+                document = Files.exists(DOCUMENT) ? Files.readString(DOCUMENT).replaceAll("\\s+", " ") : "";
+            } catch (IOException e) {
+                document = "";
+            }
+        }
+        return document;
+    }
+
+    private static void say(String fault) {
+        wrong++;
+        System.out.println(fault + (sentence.isEmpty() ? "" : "  [" + sentence + "]"));
+    }
+
     static void same(String what, long got, long due) {
         checks++;
         if (got != due) {
-            wrong++;
-            System.out.println(what + " answered " + got + ", due is " + due);
+            say(what + " answered " + got + ", due is " + due);
         }
     }
 
@@ -37,8 +81,7 @@ final class Kit {
             got = e.getClass().getSimpleName();
         }
         if (!got.equals(due.getSimpleName())) {
-            wrong++;
-            System.out.println(what + " threw " + got + ", due is " + due.getSimpleName());
+            say(what + " threw " + got + ", due is " + due.getSimpleName());
         }
     }
 
@@ -56,7 +99,8 @@ final class Kit {
 
     /** Ends a test. */
     static void close() {
-        System.out.println(checks + " checks, " + wrong + " wrong");
+        leaveSentence();
+        System.out.println(sentences + " sentences, " + checks + " checks, " + wrong + " wrong");
         if (wrong != 0 || checks == 0) {
             System.exit(1);
         }

@@ -1,4 +1,4 @@
-/** Promises 19 to 21 and 24, part 4: memories, their loads and stores, and how they grow. */
+/** Part 4 of the terms, sentence by sentence: loads, stores, pages and how memories grow. */
 public final class MemoryTest {
     private static final int I = Kit.I;
     private static final int L = Kit.L;
@@ -8,48 +8,20 @@ public final class MemoryTest {
     private static final int[] SIZES = {4, 8, 4, 8, 1, 1, 2, 2, 1, 1, 2, 2, 4, 4, 4, 8, 4, 8, 1, 2, 1, 2, 4};
 
     public static void main(String[] args) {
-        peeking();
         loads();
         stores();
-        edges();
-        acrossPages();
+        storesTakeTwo();
+        lastPlaces();
+        placesBeyond();
+        placesTogether();
+        lowestByteFirst();
+        pages();
         growing();
-        sharedPages();
+        growingByMany();
+        growingToTheMost();
+        growingAll();
+        growingImported();
         Kit.close();
-    }
-
-    private static void peeking() {
-        StackHost x = new StackHost();
-        int none = Kit.instance(x, Kit.module());
-        int empty = Kit.instance(x, Kit.module(5, 3, 1, 0, 0));
-        int two = Kit.instance(x, Kit.module(5, 3, 1, 0, 2));
-        Kit.same("pages without a memory", x.pages(none), -1);
-        Kit.same("pages of an empty one", x.pages(empty), 0);
-        Kit.same("pages", x.pages(two), 2);
-        Kit.outside("pages(3)", () -> x.pages(3));
-        Kit.outside("pages(-1)", () -> x.pages(-1));
-        Kit.outside("peek without a memory", () -> x.peek(none, 0));
-        Kit.outside("poke without a memory", () -> x.poke(none, 0, 0));
-        Kit.outside("peek of an empty one", () -> x.peek(empty, 0));
-        Kit.outside("poke of an empty one", () -> x.poke(empty, 0, 0));
-        for (int at : new int[] {0, 1, 7, 8, 65535, 65536, 131071}) {
-            Kit.same("peek", x.peek(two, at), 0);
-            x.poke(two, at, 0x1FF - at);
-            Kit.same("peek(" + at + ")", x.peek(two, at), 0x1FF - at & 255);
-        }
-        x.poke(two, 8, -1);
-        Kit.same("the byte below", x.peek(two, 7), 0x1F8 & 255);
-        Kit.same("a byte without a sign", x.peek(two, 8), 255);
-        Kit.same("the byte above", x.peek(two, 9), 0);
-        x.poke(two, 8, 256);
-        Kit.same("the lowest eight bits", x.peek(two, 8), 0);
-        Kit.outside("peek beyond", () -> x.peek(two, 131072));
-        Kit.outside("peek below", () -> x.peek(two, -1));
-        Kit.outside("poke beyond", () -> x.poke(two, 131072, 0));
-        Kit.outside("poke below", () -> x.poke(two, -1, 0));
-        Kit.outside("peek far beyond", () -> x.peek(two, Integer.MAX_VALUE));
-        Kit.outside("peek of no instance", () -> x.peek(3, 0));
-        Kit.outside("poke of no instance", () -> x.poke(-1, 0, 0));
     }
 
     private static byte[] loader(int op, long offset) {
@@ -75,8 +47,9 @@ public final class MemoryTest {
     }
 
     private static void loads() {
+        Kit.sentence("LOADS (type, bytes, and s or u where they are fewer)");
         long[] patterns = {0x8877665544332211L, 0x7FFFFFFFFFFFFFFFL, 0x0102030405060780L, 0x01020304FF06807FL,
-            0x7FF0000000000001L, 0x123456787F800001L};
+            0x7FF0000000000001L, 0x123456787F800001L, 0x0000000080000000L, 0x0000000000008000L, 0x0000000000000080L, -1L};
         for (int op = 0x28; op <= 0x35; op++) {
             StackHost x = new StackHost();
             int made = Kit.instance(x, loader(op, 3));
@@ -93,6 +66,7 @@ public final class MemoryTest {
     }
 
     private static void stores() {
+        Kit.sentence("STORES (the lowest bytes)");
         for (int op = 0x36; op <= 0x3E; op++) {
             StackHost x = new StackHost();
             int made = Kit.instance(x, storer(op, 5));
@@ -109,42 +83,104 @@ public final class MemoryTest {
         }
     }
 
-    private static void edges() {
+    private static void storesTakeTwo() {
+        Kit.sentence("stores take their type, then I");
+        for (int op = 0x36; op <= 0x3E; op++) {
+            int type = TYPES[op - 0x28];
+            byte[] value = type == I ? Kit.i32(7) : type == L ? Kit.i64(7) : type == F ? Kit.f32(7) : Kit.f64(7);
+            StackHost x = new StackHost();
+            int made = Kit.instance(x, Kit.module(Kit.sectionOf(1, Kit.type(Kit.of(), I)), 3, 2, 1, 0, 5, 3, 1, 0, 1,
+                    Kit.sectionOf(7, Kit.export("f", 0, 0)),
+                    Kit.sectionOf(10, Kit.body(Kit.i32(40), Kit.i32(9), value, op, 0, 0, Kit.i32(2), 0x6A))));
+            Kit.same("run", Kit.callOf(x, made, 0), 0);
+            Kit.same("what is below store " + op, x.result(), 42);
+        }
+        for (int op = 0x28; op <= 0x35; op++) {
+            StackHost x = new StackHost();
+            int made = Kit.instance(x, Kit.module(Kit.sectionOf(1, Kit.type(Kit.of(), I)), 3, 2, 1, 0, 5, 3, 1, 0, 1,
+                    Kit.sectionOf(7, Kit.export("f", 0, 0)),
+                    Kit.sectionOf(10, Kit.body(Kit.i32(40), Kit.i32(9), op, 0, 0, 0x1A, Kit.i32(2), 0x6A))));
+            Kit.same("run", Kit.callOf(x, made, 0), 0);
+            Kit.same("what is below load " + op, x.result(), 42);
+        }
+    }
+
+    private static byte[] using(int op, long offset) {
+        return op >= 0x36 ? storer(op, offset) : loader(op, offset);
+    }
+
+    private static void lastPlaces() {
+        Kit.sentence("trap 2 if a byte from there on is not in the memory, and nothing is stored");
         for (int op = 0x28; op <= 0x3E; op++) {
             StackHost x = new StackHost();
-            boolean stores = op >= 0x36;
             int size = SIZES[op - 0x28];
-            byte[] module = stores ? storer(op, 0) : loader(op, 0);
+            byte[] module = using(op, 0);
             int made = Kit.instance(x, module);
-            Kit.same("the last place, " + op, trying(x, made, stores, 65536 - size), 0);
+            Kit.same("the last place, " + op, trying(x, made, op, 65536 - size), 0);
             for (int k = 0; k < 8; k++) {
                 x.poke(made, 65528 + k, 0x55);
             }
-            long[] beyond = {65536 - size + 1, 65536, 0xFFFFFFFFL, 0x80000000L, 0x7FFFFFFFL, 0xFFFFFFFFL - size + 1};
-            for (long place : beyond) {
-                Kit.same("beyond, " + op, trying(x, made, stores, place), 1);
+            for (int k = 1; k <= size; k++) {
+                Kit.same(k + " bytes beyond, " + op, trying(x, made, op, 65536 - size + k), 1);
                 Kit.same("trap(0)", x.trap(0), 2);
                 Kit.same("trap(3)", x.trap(3), module.length - 4);
             }
             for (int k = 0; k < 8; k++) {
                 Kit.same("nothing is stored", x.peek(made, 65528 + k), 0x55);
             }
-            int far = Kit.instance(x, stores ? storer(op, 0xFFFFFFFFL) : loader(op, 0xFFFFFFFFL));
-            Kit.same("the greatest offset, " + op, trying(x, far, stores, 0), 1);
-            Kit.same("the greatest offset and place, " + op, trying(x, far, stores, 0xFFFFFFFFL), 1);
-            Kit.same("together they do not begin anew, " + op, trying(x, far, stores, 1), 1);
-            int near = Kit.instance(x, stores ? storer(op, 65536 - size) : loader(op, 65536 - size));
-            Kit.same("an offset to the last place, " + op, trying(x, near, stores, 0), 0);
-            Kit.same("an offset beyond it, " + op, trying(x, near, stores, 1), 1);
-            Kit.same("an offset beyond it, " + op, trying(x, near, stores, 0xFFFFFFFFL), 1);
+        }
+        emptyMemory();
+    }
+
+    private static void emptyMemory() {
+        StackHost x = new StackHost();
+        int made = Kit.instance(x, Kit.module(Kit.sectionOf(1, Kit.type(Kit.of(I), I)), 3, 2, 1, 0, 5, 3, 1, 0, 0,
+                Kit.sectionOf(7, Kit.export("f", 0, 0)), Kit.sectionOf(10, Kit.body(0x20, 0, 0x2D, 0, 0))));
+        Kit.same("an empty memory", Kit.callOf(x, made, 0, 0), 1);
+        Kit.same("trap(0)", x.trap(0), 2);
+    }
+
+    private static void placesBeyond() {
+        Kit.sentence("Their place is the I (u) that is taken and the second count, together");
+        for (int op = 0x28; op <= 0x3E; op++) {
+            StackHost x = new StackHost();
+            int made = Kit.instance(x, using(op, 0));
+            int size = SIZES[op - 0x28];
+            for (long place : new long[] {65536, 0x7FFFFFFFL, 0x80000000L, 0xFFFFFFFFL - size, 0xFFFFFFFFL - size + 1, 0xFFFFFFFFL}) {
+                Kit.same("the I has no sign, " + op, trying(x, made, op, place), 1);
+                Kit.same("trap(0)", x.trap(0), 2);
+            }
         }
     }
 
-    private static int trying(StackHost x, int made, boolean stores, long place) {
-        return stores ? Kit.callOf(x, made, 0, place, 0) : Kit.callOf(x, made, 0, place);
+    private static void placesTogether() {
+        Kit.sentence("Their place is the I (u) that is taken and the second count, together");
+        for (int op = 0x28; op <= 0x3E; op++) {
+            StackHost x = new StackHost();
+            int size = SIZES[op - 0x28];
+            int near = Kit.instance(x, using(op, 65536 - size));
+            Kit.same("a count to the last place, " + op, trying(x, near, op, 0), 0);
+            Kit.same("a count beyond it, " + op, trying(x, near, op, 1), 1);
+            Kit.same("together they do not begin anew, " + op, trying(x, near, op, 0xFFFFFFFFL), 1);
+            int far = Kit.instance(x, using(op, 0xFFFFFFFFL));
+            for (long place : new long[] {0, 1, 2, 0x80000000L, 0xFFFFFFFFL}) {
+                Kit.same("the greatest count and " + place + ", " + op, trying(x, far, op, place), 1);
+                Kit.same("trap(0)", x.trap(0), 2);
+            }
+            int half = Kit.instance(x, using(op, 0x80000000L));
+            Kit.same("twice 2 to the power of 31, " + op, trying(x, half, op, 0x80000000L), 1);
+            int some = Kit.instance(x, using(op, 300));
+            Kit.same("the last place, " + op, trying(x, some, op, 65536 - size - 300), 0);
+            Kit.same("one beyond, " + op, trying(x, some, op, 65536 - size - 299), 1);
+        }
     }
 
-    private static void acrossPages() {
+    private static int trying(StackHost x, int made, int op, long place) {
+        return op >= 0x36 ? Kit.callOf(x, made, 0, place, 0) : Kit.callOf(x, made, 0, place);
+    }
+
+    private static void lowestByteFirst() {
+        Kit.sentence("The lowest byte is first.");
         // The memory's second page is not the one behind its first among all pages.
         StackHost x = new StackHost();
         byte[] module = Kit.module(Kit.sectionOf(1, Kit.type(Kit.of(I), L), Kit.type(Kit.of(I, L)), Kit.type(Kit.of(I), I)),
@@ -183,33 +219,37 @@ public final class MemoryTest {
         Kit.same("0x3F", x.result(), x.pages(made));
     }
 
+    private static void pages() {
+        Kit.sentence("0x3F: the memory's PAGES (of 65536 bytes).");
+        for (int n = 0; n <= 16; n++) {
+            StackHost x = new StackHost();
+            int made = Kit.instance(x, grower(0, n));
+            Kit.callOf(x, made, 1, 0);
+            Kit.same("0x3F", x.result(), n);
+            Kit.same("pages", x.pages(made), n);
+            if (n > 0) {
+                x.poke(made, n * 65536 - 1, 7);
+                Kit.same("the last byte", x.peek(made, n * 65536 - 1), 7);
+            }
+            Kit.outside("a byte beyond", () -> x.peek(made, x.pages(made) * 65536));
+        }
+    }
+
     private static void growing() {
+        Kit.sentence("the memory gets n pages more, of zeros");
         StackHost x = new StackHost();
-        int made = Kit.instance(x, grower(1, 1, 3));
+        int made = Kit.instance(x, grower(0, 1));
+        x.poke(made, 0, 1);
+        x.poke(made, 65535, 2);
         grows(x, made, 0, 1);
-        grows(x, made, 3, -1);
         grows(x, made, 2, 1);
         Kit.same("pages", x.pages(made), 3);
-        Kit.same("a new page is of zeros", x.peek(made, 3 * 65536 - 1), 0);
-        grows(x, made, 1, -1);
-        grows(x, made, 0, 3);
-        grows(x, made, 0xFFFFFFFFL, -1);
-        int other = Kit.instance(x, grower(0, 0));
-        grows(x, other, 14, -1);
-        Kit.same("pages", x.pages(other), 0);
-        grows(x, other, 0x80000000L, -1);
-        grows(x, other, 0xFFFFFFFFL, -1);
-        grows(x, other, 65536, -1);
-        grows(x, other, 12, 0);
-        grows(x, other, 1, 12);
-        grows(x, other, 1, -1);
-        grows(x, other, 0, 13);
-        x.poke(other, 13 * 65536 - 1, 9);
-        Kit.same("the last byte", x.peek(other, 13 * 65536 - 1), 9);
-        Kit.outside("beyond", () -> x.peek(other, 13 * 65536));
-        int none = Kit.instance(x, grower(1, 0, 0));
-        grows(x, none, 0, 0);
-        grows(x, none, 1, -1);
+        for (int at : new int[] {65536, 65537, 131071, 131072, 3 * 65536 - 1}) {
+            Kit.same("of zeros", x.peek(made, at), 0);
+        }
+        Kit.same("what was there stays", x.peek(made, 0), 1);
+        Kit.same("what was there stays", x.peek(made, 65535), 2);
+        Kit.outside("no more than that", () -> x.peek(made, 3 * 65536));
         // A page at a time.
         StackHost y = new StackHost();
         int slow = Kit.instance(y, grower(0, 0));
@@ -217,13 +257,57 @@ public final class MemoryTest {
             grows(y, slow, 1, k);
             y.poke(slow, k * 65536 + k, k + 1);
         }
-        grows(y, slow, 1, -1);
         for (int k = 0; k < 16; k++) {
             Kit.same("what was there stays", y.peek(slow, k * 65536 + k), k + 1);
         }
     }
 
-    private static void sharedPages() {
+    private static void growingByMany() {
+        Kit.sentence("0x40: a is n (u)");
+        StackHost x = new StackHost();
+        int made = Kit.instance(x, grower(0, 2));
+        for (long n : new long[] {15, 16, 65534, 65535, 65536, 0x7FFFFFFFL, 0x80000000L, 0xFFFFFFFEL, 0xFFFFFFFFL}) {
+            grows(x, made, n, -1);
+            Kit.same("pages", x.pages(made), 2);
+        }
+        grows(x, made, 14, 2);
+    }
+
+    private static void growingToTheMost() {
+        Kit.sentence("if it has no more than its most then, 65536 without one");
+        StackHost x = new StackHost();
+        int made = Kit.instance(x, grower(1, 1, 3));
+        grows(x, made, 3, -1);
+        grows(x, made, 2, 1);
+        grows(x, made, 1, -1);
+        grows(x, made, 0, 3);
+        grows(x, made, 0xFFFFFFFFL, -1);
+        int none = Kit.instance(x, grower(1, 0, 0));
+        grows(x, none, 0, 0);
+        grows(x, none, 1, -1);
+        int far = Kit.instance(x, grower(1, 0, 100));
+        grows(x, far, 13, 0);
+        StackHost y = new StackHost();
+        grows(y, Kit.instance(y, grower(0, 0)), 16, 0);
+    }
+
+    private static void growingAll() {
+        Kit.sentence("and all memories together no more than 16: puts the pages it had; else it puts -1");
+        StackHost x = new StackHost();
+        int first = Kit.instance(x, grower(0, 3));
+        int other = Kit.instance(x, grower(0, 0));
+        grows(x, other, 14, -1);
+        Kit.same("pages", x.pages(other), 0);
+        grows(x, other, 12, 0);
+        grows(x, first, 2, -1);
+        grows(x, first, 1, 3);
+        grows(x, other, 1, -1);
+        grows(x, other, 0, 12);
+        grows(x, first, 0, 4);
+    }
+
+    private static void growingImported() {
+        Kit.sentence("if it has no more than its most then");
         StackHost x = new StackHost();
         byte[] owner = Kit.module(5, 4, 1, 1, 1, 2, Kit.sectionOf(7, Kit.export("m", 2, 0)));
         int first = Kit.instance(x, owner);
@@ -238,6 +322,5 @@ public final class MemoryTest {
         Kit.same("0x40", x.result(), 1);
         Kit.same("pages of the owner", x.pages(first), 2);
         Kit.same("pages of the user", x.pages(second), 2);
-        Kit.same("wrong()", x.wrong(), 0);
     }
 }

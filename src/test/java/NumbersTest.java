@@ -2,7 +2,7 @@ import java.math.BigDecimal;
 import java.math.BigInteger;
 import java.util.Random;
 
-/** Part 4, the instructions 0x45 .. 0xBF, with every answer reckoned by Java's own numbers (promises 13, 14, 17, 18). */
+/** Part 4, the instructions 0x45 .. 0xBF, with every answer reckoned by Java's own numbers, too. */
 public final class NumbersTest {
     private static final int I = Kit.I;
     private static final int L = Kit.L;
@@ -10,17 +10,9 @@ public final class NumbersTest {
     private static final int D = Kit.D;
     private static final long NAN_F = 0x7FC00000L;
     private static final long NAN_D = 0x7FF8000000000000L;
-    private static final long TRAP = 0x5452415000000000L;
+    private static final long TRAP = Calculator.TRAP;
     private static final long MASK = 0xFFFFFFFFL;
     private static final int TURNS = 1500;
-
-    /** Last instruction, how many are taken, of what type, what is put. */
-    private static final int[][] GROUPS = {
-        {0x45, 1, I, I}, {0x4F, 2, I, I}, {0x50, 1, L, I}, {0x5A, 2, L, I}, {0x60, 2, F, I}, {0x66, 2, D, I},
-        {0x69, 1, I, I}, {0x78, 2, I, I}, {0x7B, 1, L, L}, {0x8A, 2, L, L}, {0x91, 1, F, F}, {0x98, 2, F, F},
-        {0x9F, 1, D, D}, {0xA6, 2, D, D}, {0xA7, 1, L, I}, {0xA9, 1, F, I}, {0xAB, 1, D, I}, {0xAD, 1, I, L},
-        {0xAF, 1, F, L}, {0xB1, 1, D, L}, {0xB3, 1, I, F}, {0xB5, 1, L, F}, {0xB6, 1, D, F}, {0xB8, 1, I, D},
-        {0xBA, 1, L, D}, {0xBB, 1, F, D}, {0xBC, 1, F, I}, {0xBD, 1, D, L}, {0xBE, 1, I, F}, {0xBF, 1, L, D}};
 
     private static final long[] WHOLE = {0, 1, 2, 3, 31, 32, 33, 63, 64, 65, 127, 128, 255, 0x7FFF, 0x8000, 0xFFFF,
         0x7FFFFFFF, 0x80000000L, 0x80000001L, 0xFFFFFFFFL, 0x100000000L, 0x1000001L, 0x1000003L, -1, -2, -3, -128,
@@ -39,57 +31,19 @@ public final class NumbersTest {
         1e-40, 1e-46, 1e-320, Double.POSITIVE_INFINITY, Double.NaN};
 
     private static final Random RANDOM = new Random(20261115);
-    private static StackHost host;
-    private static int made;
+    private static final Calculator CALCULATOR = new Calculator();
 
     public static void main(String[] args) {
-        host = new StackHost();
-        made = Kit.instance(host, everyInstruction());
         for (int op = 0x45; op <= 0xBF; op++) {
-            int[] group = groupOf(op);
-            if (group[1] == 1) {
-                oneTaken(op, group[2]);
+            if (Calculator.taken(op) == 1) {
+                oneTaken(op, Calculator.type(op));
             } else {
-                twoTaken(op, group[2]);
+                twoTaken(op, Calculator.type(op));
             }
         }
         nansArePlain();
-        namedEdges();
-        Kit.same("wrong()", host.wrong(), 0);
+        Kit.same("wrong()", CALCULATOR.host.wrong(), 0);
         Kit.close();
-    }
-
-    private static int[] groupOf(int op) {
-        int k = 0;
-        while (op > GROUPS[k][0]) {
-            k++;
-        }
-        return GROUPS[k];
-    }
-
-    /** A function for each instruction, exported in order. */
-    private static byte[] everyInstruction() {
-        int n = 0xBF - 0x45 + 1;
-        byte[][] types = new byte[n][];
-        byte[][] numbers = new byte[n][];
-        byte[][] exports = new byte[n][];
-        byte[][] bodies = new byte[n][];
-        for (int k = 0; k < n; k++) {
-            int[] group = groupOf(0x45 + k);
-            int[] taken = group[1] == 1 ? Kit.of(group[2]) : Kit.of(group[2], group[2]);
-            types[k] = Kit.type(taken, group[3]);
-            numbers[k] = Kit.count(k);
-            exports[k] = Kit.export("e" + k, 0, k);
-            byte[] second = group[1] == 1 ? Kit.bytes() : Kit.bytes(0x20, 1);
-            // Another operand below must not be touched, nor taken for the one above; 0x0F leaves it behind.
-            bodies[k] = Kit.body(constant(group[2]), 0x20, 0, second, 0x45 + k, 0x0F);
-        }
-        return Kit.module(Kit.sectionOf(1, types), Kit.sectionOf(3, numbers), Kit.sectionOf(7, exports),
-                Kit.sectionOf(10, bodies));
-    }
-
-    private static byte[] constant(int type) {
-        return type == I ? Kit.i32(77) : type == L ? Kit.i64(77) : type == F ? Kit.f32(77) : Kit.f64(77);
     }
 
     private static void oneTaken(int op, int type) {
@@ -144,17 +98,9 @@ public final class NumbersTest {
     }
 
     private static void check(int op, int type, long a, long b) {
-        int[] group = groupOf(op);
-        long due = due(op, type, a, b);
-        int how = group[1] == 1 ? Kit.callOf(host, made, op - 0x45, a) : Kit.callOf(host, made, op - 0x45, a, b);
+        long got = Calculator.taken(op) == 1 ? CALCULATOR.of(op, a) : CALCULATOR.of(op, a, b);
         String what = "0x" + Integer.toHexString(op) + " of " + Long.toHexString(a) + " and " + Long.toHexString(b);
-        if (due >= TRAP && due <= TRAP + 9) {
-            Kit.same(what + ", run", how, 1);
-            Kit.same(what + ", trap", host.trap(0), due - TRAP);
-            return;
-        }
-        Kit.same(what + ", run", how, 0);
-        Kit.same(what, host.result(), due);
+        Kit.same(what, got, due(op, type, a, b));
     }
 
     private static long due(int op, int type, long a, long b) {
@@ -411,32 +357,5 @@ public final class NumbersTest {
             check(0xBF, L, nan, 0);
             check(0xB1, D, nan, 0);
         }
-    }
-
-    /** What the document names in words. */
-    private static void namedEdges() {
-        check(0x8D, F, Float.floatToRawIntBits(-0.5f) & MASK, 0);
-        Kit.same("-0.5 upward is -0", host.result(), 0x80000000L);
-        check(0x91, F, 0x80000000L, 0);
-        Kit.same("the root of -0", host.result(), 0x80000000L);
-        check(0xA9, F, Float.floatToRawIntBits(-0.9f) & MASK, 0);
-        Kit.same("-0.9 without a sign", host.result(), 0);
-        check(0x6F, I, 0x80000000L, 0xFFFFFFFFL);
-        Kit.same("the remainder of the least by -1", host.result(), 0);
-        check(0x81, L, Long.MIN_VALUE, -1);
-        Kit.same("the remainder of the least by -1", host.result(), 0);
-        check(0x96, F, 0, 0x80000000L);
-        Kit.same("the lesser of 0 and -0", host.result(), 0x80000000L);
-        check(0x97, F, 0x80000000L, 0);
-        Kit.same("the greater of -0 and 0", host.result(), 0);
-        // Arguments of I and F are their lowest 32 bits.
-        Kit.callOf(host, made, 0x6A - 0x45, 0x1234567800000001L, 0x7FFFFFFF00000002L);
-        Kit.same("1 + 2", host.result(), 3);
-        Kit.callOf(host, made, 0x92 - 0x45, 0x123456783F800000L, -1L << 32 | 0x40000000L);
-        Kit.same("1.0 + 2.0", host.result(), 0x40400000L);
-        Kit.callOf(host, made, 0xBC - 0x45, -1L << 32 | 0x3F800000L);
-        Kit.same("the bits of 1.0", host.result(), 0x3F800000L);
-        Kit.callOf(host, made, 0xAD - 0x45, -1L);
-        Kit.same("-1 as a long number without a sign", host.result(), MASK);
     }
 }
