@@ -111,19 +111,20 @@ public final class BytesTest {
     /** What sections 1 to 11 hold, with all that can be written in them. */
     private static byte[][] contents() {
         byte[] types = Kit.bytes(2, 96, 2, 127, 126, 0, 96, 0, 1, 125);
-        byte[] imports = Kit.join(4, Kit.text("ab"), Kit.text("c"), 0, 0x80, 1, Kit.text(""), Kit.text("\u00c3\u00a4"), 1, 112,
-                1, 1, 0x82, 0, Kit.text("m"), Kit.text("n"), 2, 0, 5, Kit.text("v"), Kit.text("w"), 3, 124, 1);
+        byte[] imports = Kit.join(4, Kit.text("ab"), Kit.text("c"), 0, 0x80, 1, Kit.text(""), Kit.text("\u00c3\u00a4"),
+                1, 112, 1, 1, 0x82, 0, Kit.text("m"), Kit.text("n"), 2, 0, 5, Kit.text("v"), Kit.text("w"), 3, 124, 1);
         byte[] functions = Kit.bytes(2, 0, 0x81, 0);
         byte[] tables = Kit.bytes(1, 112, 1, 3, 4);
         byte[] memories = Kit.bytes(1, 0, 0x80, 1);
-        byte[] variables = Kit.join(4, 127, 0, 0x41, 0x80, 1, 11, 126, 1, 0x42, 0xFF, 0x7F, 11, 125, 0, Kit.f32(1), 11, 124, 0,
-                Kit.f64(1), 11);
+        byte[] variables = Kit.join(4, 127, 0, 0x41, 0x80, 1, 11, 126, 1, 0x42, 0xFF, 0x7F, 11, 125, 0, Kit.f32(1), 11,
+                124, 0, Kit.f64(1), 11);
         byte[] exports = Kit.join(2, Kit.text("abc"), 0, 0x81, 0, Kit.text("d"), 3, 0);
         byte[] start = Kit.bytes(0x80, 0x80, 0);
         byte[] elements = Kit.bytes(2, 0, 0x41, 0, 11, 2, 0x80, 0, 1, 0, 0x23, 0, 11, 0);
         byte[] bodies = Kit.join(2, Kit.body(1, 1), Kit.bodyWith(2, 127, 0x41, 0, 0x1A));
         byte[] data = Kit.bytes(1, 0, 0x41, 0, 11, 3, 9, 8, 7);
-        return new byte[][] {types, imports, functions, tables, memories, variables, exports, start, elements, bodies, data};
+        return new byte[][] {types, imports, functions, tables, memories, variables, exports, start, elements, bodies,
+                data};
     }
 
     private static void theEndOfASection() {
@@ -143,9 +144,10 @@ public final class BytesTest {
 
     private static void theEndOfABody() {
         Kit.sentence("between a place and an END (of the tape, of a section, of a body)");
-        byte[] body = Kit.join(2, 0x81, 0, 127, 1, 126, 2, 64, 3, 127, 4, 64, 5, 0x0C, 0x80, 0, 0x0D, 1, 0x0E, 2, 0, 0x81, 0, 0, 0x10,
-                0x80, 0, 0x11, 0x80, 0, 0, 0x20, 0, 0x21, 0, 0x22, 0, 0x23, 0, 0x24, 0, 0x28, 2, 0x80, 0, 0x3E, 0x80, 0, 0, 0x3F, 0,
-                0x40, 0, 0x41, 0x80, 0x7F, 0x42, 0x80, 0x7F, Kit.f32(1), Kit.f64(1), 0x45, 0xBF, 11, 11, 11, 11);
+        byte[] body = Kit.join(2, 0x81, 0, 127, 1, 126, 2, 64, 3, 127, 4, 64, 5, 0x0C, 0x80, 0, 0x0D, 1, 0x0E, 2, 0,
+                0x81, 0, 0, 0x10, 0x80, 0, 0x11, 0x80, 0, 0, 0x20, 0, 0x21, 0, 0x22, 0, 0x23, 0, 0x24, 0, 0x28, 2, 0x80,
+                0, 0x3E, 0x80, 0, 0, 0x3F, 0, 0x40, 0, 0x41, 0x80, 0x7F, 0x42, 0x80, 0x7F, Kit.f32(1), Kit.f64(1), 0x45,
+                0xBF, 11, 11, 11, 11);
         for (int cut = 0; cut < body.length; cut++) {
             byte[] cutBody = Kit.sized(Arrays.copyOf(body, cut));
             byte[] module = Kit.module(Kit.section(10, 2, cutBody, Kit.body()));
@@ -165,8 +167,8 @@ public final class BytesTest {
 
     private static void sevenBitsEach() {
         Kit.sentence("are bytes of seven bits each, the lowest first; each byte but the last one has 128 more");
-        long[] numbers = {0, 1, 127, 128, 129, 255, 256, 16383, 16384, 2097151, 2097152, 268435455L, 268435456L, 0x7FFFFFFFL,
-            0x80000000L, 0xFFFFFFFFL};
+        long[] numbers = {0, 1, 127, 128, 129, 255, 256, 16383, 16384, 2097151, 2097152, 268435455L, 268435456L,
+                0x7FFFFFFFL, 0x80000000L, 0xFFFFFFFFL};
         for (long number : numbers) {
             countIs("count " + number, Kit.count(number), number);
         }
@@ -246,11 +248,13 @@ public final class BytesTest {
     }
 
     private static void theHighestBitIsRepeated() {
-        Kit.sentence("The highest bit of the last byte's seven (if it is not the fifth, or tenth) is repeated upwards in s32 and s64.");
+        Kit.sentence("The highest bit of the last byte's seven (if it is not the fifth, or tenth) is repeated "
+                + "upwards in s32 and s64.");
         for (int last : new int[] {0, 1, 63, 64, 65, 126, 127}) {
             for (int length = 1; length <= 9; length++) {
                 long number = (long) (last << 25 >> 25) << 7 * (length - 1);
-                variableIs("long, " + length + " bytes, the last " + last, longNumber(ending(length, 0x80, last)), number);
+                variableIs("long, " + length + " bytes, the last " + last, longNumber(ending(length, 0x80, last)),
+                        number);
                 if (length <= 4) {
                     variableIs("short, " + length + " bytes, the last " + last, shortNumber(ending(length, 0x80, last)),
                             number & 0xFFFFFFFFL);
@@ -263,7 +267,8 @@ public final class BytesTest {
         Kit.sentence("Written longer than need be they are right.");
         for (int length = 1; length <= 5; length++) {
             countIs("0 in " + length, ending(length, 0x80, 0), 0);
-            Kit.valid("a size in " + length, Kit.module(1, length == 1 ? Kit.bytes(1) : Kit.join(0x81, ending(length - 1, 0x80, 0)), 0));
+            Kit.valid("a size in " + length, Kit.module(1, length == 1 ? Kit.bytes(1) : Kit.join(0x81,
+                    ending(length - 1, 0x80, 0)), 0));
             variableIs("short 0 in " + length, shortNumber(ending(length, 0x80, 0)), 0);
             variableIs("short -1 in " + length, shortNumber(ending(length, 0xFF, 127)), 0xFFFFFFFFL);
         }
@@ -288,7 +293,9 @@ public final class BytesTest {
         }
     }
 
-    /** A name of section 0; its bytes begin at place 11. One host does for many, as what is at fault takes no number. */
+    /**
+     * A name of section 0; its bytes begin at place 11. One host does for many, as what is at fault takes no number.
+     */
     private static void nameIs(boolean right, int place, int... name) {
         byte[] module = Kit.module(Kit.section(0, Kit.sized(Kit.bytes(name))));
         if (loaded == 60) {
@@ -359,7 +366,8 @@ public final class BytesTest {
     }
 
     private static void secondBytesThatAreNarrower() {
-        Kit.sentence("but the second one not below 160 behind 224, not above 159 behind 237, not below 144 behind 240, and not above 143 behind 244");
+        Kit.sentence("but the second one not below 160 behind 224, not above 159 behind 237, not below 144 behind "
+                + "240, and not above 143 behind 244");
         for (int first = 224; first <= 244; first++) {
             for (int second = 0; second < 256; second++) {
                 boolean right = follows(second) && !(first == 224 && second < 160) && !(first == 237 && second > 159)
@@ -401,12 +409,14 @@ public final class BytesTest {
             if (kind != 8) {
                 Kit.valid("a row of none, section " + kind, Kit.module(kind, 1, 0));
                 Kit.faults("a row of one that is not there, section " + kind, Kit.module(kind, 1, 1), 2, 11);
-                Kit.faults("a row of very many, section " + kind, Kit.module(Kit.section(kind, Kit.count(0xFFFFFFFFL))), 2, 15);
+                Kit.faults("a row of very many, section " + kind, Kit.module(Kit.section(kind, Kit.count(0xFFFFFFFFL))),
+                        2, 15);
             }
         }
         Kit.faults("fewer than there are", Kit.module(1, 7, 1, 96, 0, 0, 96, 0, 0), 7, 14);
         Kit.faults("more than there are", Kit.module(1, 7, 3, 96, 0, 0, 96, 0, 0), 2, 17);
-        Kit.faults("more parameters than there are", Kit.module(Kit.section(1, 1, 96, Kit.count(0xFFFFFFFFL), 127)), 2, 18);
+        Kit.faults("more parameters than there are", Kit.module(Kit.section(1, 1, 96, Kit.count(0xFFFFFFFFL), 127)), 2,
+                18);
         Kit.faults("more functions than there are", Kit.module(9, 6, 1, 0, 0x41, 0, 11, 1), 2, 16);
         for (long many : new long[] {0x80000000L, 0xFFFFFFFFL}) {
             // What stands behind would be right if there were none.
@@ -414,9 +424,12 @@ public final class BytesTest {
             Kit.faults("very many results", Kit.module(Kit.section(1, 1, 96, 0, Kit.count(many))), 2, 18);
             Kit.faults("very many functions", Kit.module(Kit.section(9, 1, 0, 0x41, 0, 11, Kit.count(many))), 2, 20);
             Kit.faults("very many locals", Kit.module(Kit.section(10, 1, Kit.sized(Kit.count(many), 11))), 2, 18);
-            Kit.faults("very many labels", Kit.module(Kit.section(10, 1, Kit.sized(0, 0x0E, Kit.count(many), 11))), 2, 20);
+            Kit.faults("very many labels", Kit.module(Kit.section(10, 1, Kit.sized(0, 0x0E, Kit.count(many), 11))), 2,
+                    20);
         }
-        Kit.faults("more data than there are", Kit.module(Kit.section(11, 1, 0, 0x41, 0, 11, Kit.count(0xFFFFFFFFL), 9)), 2, 21);
-        Kit.faults("more data than there are", Kit.module(Kit.section(11, 1, 0, 0x41, 0, 11, Kit.count(0x80000000L), 9)), 2, 21);
+        Kit.faults("more data than there are", Kit.module(Kit.section(11, 1, 0, 0x41, 0, 11, Kit.count(0xFFFFFFFFL),
+                9)), 2, 21);
+        Kit.faults("more data than there are", Kit.module(Kit.section(11, 1, 0, 0x41, 0, 11, Kit.count(0x80000000L),
+                9)), 2, 21);
     }
 }

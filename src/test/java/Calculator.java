@@ -1,4 +1,6 @@
-/** A host with one instance that exports a function for each of 0x45 .. 0xBF, to ask what such an instruction answers. */
+/**
+ * A host with one instance that exports a function for each of 0x45 .. 0xBF, to ask what such an instruction answers.
+ */
 final class Calculator {
     /** A trap is answered as this and its code; no number that the tests ask for is like it. */
     static final long TRAP = 0x5452415000000000L;
@@ -51,8 +53,8 @@ final class Calculator {
             byte[] second = group[1] == 1 ? Kit.bytes() : Kit.bytes(0x20, 1);
             int kept = group[1];
             // The answer is kept in a local; then what was below must be there, untouched, else 0x00 traps.
-            bodies[k] = Kit.bodyWith(1, group[3], Kit.i32(BELOW), 0x20, 0, second, 0x45 + k, 0x21, kept, Kit.i32(BELOW), 0x47, 4, 64,
-                    0, 11, 0x20, kept);
+            bodies[k] = Kit.bodyWith(1, group[3], Kit.i32(BELOW), 0x20, 0, second, 0x45 + k, 0x21, kept, Kit.i32(BELOW),
+                    0x47, 4, 64, 0, 11, 0x20, kept);
         }
         return Kit.module(Kit.sectionOf(1, types), Kit.sectionOf(3, numbers), Kit.sectionOf(7, exports),
                 Kit.sectionOf(10, bodies));

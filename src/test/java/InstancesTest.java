@@ -65,24 +65,22 @@ public final class InstancesTest {
     }
 
     private static void importedAndOwn() {
-        Kit.sentence("A module is made an INSTANCE, with functions, a table, a memory and variables: those imported, which are others' "
-                + "or the host's, and its own.");
+        Kit.sentence("A module is made an INSTANCE, with functions, a table, a memory and variables: those imported, "
+                + "which are others' or the host's, and its own.");
         StackHost x = new StackHost();
-        byte[] owner = Kit.module(Kit.sectionOf(1, Kit.type(Kit.of(), I)), 3, 2, 1, 0, 4, 4, 1, 112, 0, 2, 5, 3, 1, 0, 1,
-                Kit.section(6, 2, I, 1, Kit.i32(5), 11, I, 0, Kit.i32(6), 11),
-                Kit.sectionOf(7, Kit.export("f", 0, 0), Kit.export("t", 1, 0), Kit.export("m", 2, 0), Kit.export("v", 3, 0),
-                        Kit.export("w", 3, 1)),
-                Kit.sectionOf(10, Kit.body(0x23, 0)));
+        byte[] owner = Kit.module(Kit.sectionOf(1, Kit.type(Kit.of(), I)), 3, 2, 1, 0, 4, 4, 1, 112, 0, 2, 5, 3, 1, 0,
+                1, Kit.section(6, 2, I, 1, Kit.i32(5), 11, I, 0, Kit.i32(6), 11),
+                Kit.sectionOf(7, Kit.export("f", 0, 0), Kit.export("t", 1, 0), Kit.export("m", 2, 0),
+                Kit.export("v", 3, 0), Kit.export("w", 3, 1)), Kit.sectionOf(10, Kit.body(0x23, 0)));
         int first = Kit.instance(x, owner);
         Kit.name(x, first, "o");
         // 0x23 1 of the user is the second imported variable, which is fixed.
-        byte[] user = Kit.module(Kit.sectionOf(1, Kit.type(Kit.of(), I)),
-                Kit.sectionOf(2, imported("o", "v", 3, I, 1), imported("o", "f", 0, 0), imported("o", "t", 1, 112, 0, 0),
-                        imported("o", "m", 2, 0, 0), imported("o", "w", 3, I, 0)),
-                3, 2, 1, 0, Kit.section(6, 2, I, 0, 0x23, 1, 11, L, 1, Kit.i64(8), 11),
+        byte[] user = Kit.module(Kit.sectionOf(1, Kit.type(Kit.of(), I)), Kit.sectionOf(2, imported("o", "v", 3, I, 1),
+                imported("o", "f", 0, 0), imported("o", "t", 1, 112, 0, 0), imported("o", "m", 2, 0, 0),
+                imported("o", "w", 3, I, 0)), 3, 2, 1, 0, Kit.section(6, 2, I, 0, 0x23, 1, 11, L, 1, Kit.i64(8), 11),
                 Kit.sectionOf(7, Kit.export("g", 0, 1), Kit.export("f", 0, 0), Kit.export("v", 3, 0)),
-                Kit.section(9, 1, 0, Kit.i32(0), 11, 2, 1, 0),
-                Kit.sectionOf(10, Kit.body(Kit.i32(9), 0x24, 0, Kit.i32(77), Kit.i32(78), 0x36, 0, 0, 0x10, 0)));
+                Kit.section(9, 1, 0, Kit.i32(0), 11, 2, 1, 0), Kit.sectionOf(10,
+                Kit.body(Kit.i32(9), 0x24, 0, Kit.i32(77), Kit.i32(78), 0x36, 0, 0, 0x10, 0)));
         int second = Kit.instance(x, user);
         Kit.same("an own variable from an imported one", x.variable(second, 2), 6);
         Kit.same("an own one", x.variable(second, 3), 8);
@@ -103,7 +101,8 @@ public final class InstancesTest {
         // Through a third one.
         Kit.name(x, second, "u");
         int last = Kit.instance(x, Kit.module(Kit.sectionOf(1, Kit.type(Kit.of(), I)),
-                Kit.sectionOf(2, imported("u", "f", 0, 0), imported("u", "v", 3, I, 1)), Kit.sectionOf(7, Kit.export("f", 0, 0))));
+                Kit.sectionOf(2, imported("u", "f", 0, 0), imported("u", "v", 3, I, 1)),
+                Kit.sectionOf(7, Kit.export("f", 0, 0))));
         Kit.same("run", Kit.callOf(x, last, 0), 0);
         Kit.same("a function through two", x.result(), 9);
         Kit.same("a variable through two", x.variable(last, 0), 9);
@@ -129,8 +128,8 @@ public final class InstancesTest {
     }
 
     private static void theHostsName() {
-        Kit.sentence("The host's name is the bytes 104 111 115 116, always: also when an instance has that name, imports from it are the "
-                + "host's");
+        Kit.sentence("The host's name is the bytes 104 111 115 116, always: also when an instance has that name, "
+                + "imports from it are the host's");
         StackHost x = new StackHost();
         byte[] type = Kit.sectionOf(1, Kit.type(Kit.of(I)));
         links("host", x, 0, 0, Kit.module(type, Kit.sectionOf(2, imported("host", "i", 0, 0))));
@@ -138,17 +137,20 @@ public final class InstancesTest {
             links(other, x, 41, 0, Kit.module(type, Kit.sectionOf(2, imported(other, "i", 0, 0))));
         }
         Kit.name(x, Kit.instance(x, constantly(3)), "host");
-        links("what an instance of that name exports is not meant", x, 42, 0, importing(imported("host", "v", 3, I, 0)));
+        links("what an instance of that name exports is not meant", x, 42, 0, importing(imported("host", "v", 3, I,
+                0)));
         links("the host's still", x, 0, 0, Kit.module(type, Kit.sectionOf(2, imported("host", "i", 0, 0))));
     }
 
     private static void theHostsExports() {
-        Kit.sentence("it exports functions without results named by the bytes 105, 108, 102, 100, with one parameter I, L, F, D");
+        Kit.sentence("it exports functions without results named by the bytes 105, 108, 102, 100, with one parameter "
+                + "I, L, F, D");
         String[] names = {"i", "l", "f", "d"};
         for (int a = 0; a < 4; a++) {
             for (int b = 0; b < 4; b++) {
-                links(names[a] + " with type " + b, new StackHost(), a == b ? 0 : 43, 0, Kit.module(
-                        Kit.sectionOf(1, Kit.type(Kit.of(TYPES[b]))), Kit.sectionOf(2, imported("host", names[a], 0, 0))));
+                links(names[a] + " with type " + b, new StackHost(), a == b ? 0 : 43, 0,
+                        Kit.module( Kit.sectionOf(1, Kit.type(Kit.of(TYPES[b]))),
+                        Kit.sectionOf(2, imported("host", names[a], 0, 0))));
             }
         }
         StackHost x = new StackHost();
@@ -163,6 +165,12 @@ public final class InstancesTest {
         links("a memory", x, 43, 0, importing(imported("host", "d", 2, 0, 0)));
         links("a table", x, 43, 0, importing(imported("host", "f", 1, 112, 0, 0)));
         links("a variable that is not there", x, 42, 0, importing(imported("host", "v", 3, I, 0)));
+        // Also where there is an imported function of the same number, which would fit.
+        int[][] others = {{1, 112, 0, 0}, {2, 0, 0}, {3, I, 0}};
+        for (int[] other : others) {
+            links("a function and kind " + other[0], x, 43, 1, Kit.module(type, Kit.sectionOf(2,
+                    imported("host", "i", 0, 0), imported("host", "i", other))));
+        }
         // The host's, exported again by an instance.
         int again = Kit.instance(x, Kit.module(type, Kit.sectionOf(2, imported("host", "i", 0, 0)),
                 Kit.sectionOf(7, Kit.export("out", 0, 0))));
@@ -172,7 +180,8 @@ public final class InstancesTest {
     }
 
     private static void importsInOrder() {
-        Kit.sentence("First each import, in its order, is looked up (what fails it is its FAULT, its place the import's number)");
+        Kit.sentence("First each import, in its order, is looked up (what fails it is its FAULT, its place the "
+                + "import's number)");
         StackHost x = new StackHost();
         Kit.name(x, Kit.instance(x, constantly(1)), "a");
         byte[] right = imported("a", "v", 3, I, 0);
@@ -224,9 +233,9 @@ public final class InstancesTest {
     private static void otherKinds() {
         Kit.sentence("43, that is of another kind, or does not fit");
         StackHost x = new StackHost();
-        int made = Kit.instance(x, Kit.module(Kit.sectionOf(1, VOID_TYPE), 3, 2, 1, 0, 4, 4, 1, 112, 0, 0, 5, 3, 1, 0, 0,
-                Kit.section(6, 1, I, 0, Kit.i32(0), 11), Kit.sectionOf(7, Kit.export("f", 0, 0), Kit.export("t", 1, 0),
-                        Kit.export("m", 2, 0), Kit.export("v", 3, 0)), Kit.sectionOf(10, Kit.body())));
+        int made = Kit.instance(x, Kit.module(Kit.sectionOf(1, VOID_TYPE), 3, 2, 1, 0, 4, 4, 1, 112, 0, 0, 5, 3, 1, 0,
+                0, Kit.section(6, 1, I, 0, Kit.i32(0), 11), Kit.sectionOf(7, Kit.export("f", 0, 0),
+                Kit.export("t", 1, 0), Kit.export("m", 2, 0), Kit.export("v", 3, 0)), Kit.sectionOf(10, Kit.body())));
         Kit.name(x, made, "a");
         String[] names = {"f", "t", "m", "v"};
         int[][] wanted = {{0, 0}, {1, 112, 0, 0}, {2, 0, 0}, {3, I, 0}};
@@ -245,7 +254,8 @@ public final class InstancesTest {
                 Kit.sectionOf(7, Kit.export("f", 0, 0)), Kit.sectionOf(10, Kit.body(Kit.f32(1)))));
         Kit.name(x, made, "a");
         byte[] types = Kit.sectionOf(1, Kit.type(Kit.of(I)), Kit.type(Kit.of(I, L), F), Kit.type(Kit.of(I, L)),
-                Kit.type(Kit.of(I, I), F), Kit.type(Kit.of(I, L), D), Kit.type(Kit.of(I, L, L), F), Kit.type(Kit.of(L, I), F));
+                Kit.type(Kit.of(I, I), F), Kit.type(Kit.of(I, L), D), Kit.type(Kit.of(I, L, L), F),
+                Kit.type(Kit.of(L, I), F));
         for (int k = 0; k < 7; k++) {
             links("type " + k, x, k == 1 ? 0 : 43, 0, Kit.module(types, Kit.sectionOf(2, imported("a", "f", 0, k))));
         }
@@ -264,7 +274,8 @@ public final class InstancesTest {
 
     private static byte[] growing(int... limits) {
         return Kit.module(Kit.sectionOf(1, Kit.type(Kit.of(I), I)), 3, 2, 1, 0, Kit.section(5, 1, Kit.bytes(limits)),
-                Kit.sectionOf(7, Kit.export("m", 2, 0), Kit.export("g", 0, 0)), Kit.sectionOf(10, Kit.body(0x20, 0, 0x40, 0)));
+                Kit.sectionOf(7, Kit.export("m", 2, 0), Kit.export("g", 0, 0)), Kit.sectionOf(10,
+                Kit.body(0x20, 0, 0x40, 0)));
     }
 
     private static void memoriesFit() {
@@ -275,7 +286,8 @@ public final class InstancesTest {
         for (int least = 0; least <= 4; least++) {
             links("a least of " + least, x, least <= 2 ? 0 : 43, 0, importing(imported("m", "m", 2, 0, least)));
         }
-        links("the greatest least", x, 43, 0, Kit.module(Kit.section(2, 1, Kit.text("m"), Kit.text("m"), 2, 0, Kit.count(65536))));
+        links("the greatest least", x, 43, 0, Kit.module(Kit.section(2, 1, Kit.text("m"), Kit.text("m"), 2, 0,
+                Kit.count(65536))));
         Kit.callOf(x, made, 1, 1);
         links("it has grown: now three", x, 0, 0, importing(imported("m", "m", 2, 0, 3)));
         links("not four", x, 43, 0, importing(imported("m", "m", 2, 0, 4)));
@@ -287,7 +299,8 @@ public final class InstancesTest {
         Kit.name(x, Kit.instance(x, Kit.module(4, 5, 1, 112, 1, 3, 7, Kit.sectionOf(7, Kit.export("t", 1, 0)))), "b");
         Kit.name(x, Kit.instance(x, Kit.module(4, 4, 1, 112, 0, 3, Kit.sectionOf(7, Kit.export("t", 1, 0)))), "u");
         for (int most = 5; most <= 9; most++) {
-            links("a table's most of " + most, x, most >= 7 ? 0 : 43, 0, importing(imported("b", "t", 1, 112, 1, 0, most)));
+            links("a table's most of " + most, x, most >= 7 ? 0 : 43, 0, importing(imported("b", "t", 1, 112, 1, 0,
+                    most)));
             links("a table without one", x, 43, 0, importing(imported("u", "t", 1, 112, 1, 0, most)));
         }
         links("an import without one", x, 0, 0, importing(imported("b", "t", 1, 112, 0, 0)));
@@ -301,7 +314,8 @@ public final class InstancesTest {
         Kit.name(x, Kit.instance(x, growing(0, 1)), "um");
         Kit.callOf(x, bounded, 1, 1);
         for (int most = 2; most <= 6; most++) {
-            links("a memory's most of " + most, x, most >= 4 ? 0 : 43, 0, importing(imported("bm", "m", 2, 1, 1, most)));
+            links("a memory's most of " + most, x, most >= 4 ? 0 : 43, 0, importing(imported("bm", "m", 2, 1, 1,
+                    most)));
         }
         links("a memory without one", x, 43, 0, importing(imported("um", "m", 2, 1, 1, 16)));
         // What counts is the table's own most, also where it was imported without one.
@@ -321,7 +335,8 @@ public final class InstancesTest {
                 Kit.name(x, Kit.instance(x, Kit.module(Kit.section(6, 1, type, kind, number, 11),
                         Kit.sectionOf(7, Kit.export("v", 3, 0)))), "a");
                 for (int wanted : TYPES) {
-                    links("type " + type + " for " + wanted, x, wanted == type ? 0 : 43, 0, importing(imported("a", "v", 3, wanted, kind)));
+                    links("type " + type + " for " + wanted, x, wanted == type ? 0 : 43, 0,
+                            importing(imported("a", "v", 3, wanted, kind)));
                     links("not alike", x, 43, 0, importing(imported("a", "v", 3, wanted, 1 - kind)));
                 }
             }
@@ -351,13 +366,13 @@ public final class InstancesTest {
             numbers[k] = Kit.bytes(0);
             bodies[k] = Kit.body();
         }
-        return Kit.module(Kit.sectionOf(1, VOID_TYPE), Kit.sectionOf(3, numbers), Kit.sectionOf(7, Kit.export("f", 0, 0)),
-                Kit.sectionOf(10, bodies));
+        return Kit.module(Kit.sectionOf(1, VOID_TYPE), Kit.sectionOf(3, numbers),
+                Kit.sectionOf(7, Kit.export("f", 0, 0)), Kit.sectionOf(10, bodies));
     }
 
     private static void manyFunctions() {
-        Kit.sentence("with its own (imported ones are counted only where they are an instance's own, the host's nowhere) all functions "
-                + "would be more than 8192");
+        Kit.sentence("with its own (imported ones are counted only where they are an instance's own, the host's "
+                + "nowhere) all functions would be more than 8192");
         StackHost x = new StackHost();
         Kit.load(x, functions(1000));
         for (int k = 0; k < 8; k++) {
@@ -451,11 +466,14 @@ public final class InstancesTest {
         Kit.name(x, Kit.instance(x, constantly(1)), "a");
         byte[] large = Kit.bytes(5, 3, 1, 0, 17);
         links("41 comes before", x, 41, 0, Kit.join(importing(imported("z", "v", 3, I, 0)), large));
-        links("43 comes before", x, 43, 1, Kit.join(importing(imported("a", "v", 3, I, 0), imported("a", "v", 3, L, 0)), large));
-        links("its place is 0", x, 44, 0, Kit.join(importing(imported("a", "v", 3, I, 0), imported("a", "v", 3, I, 0)), large));
+        links("43 comes before", x, 43, 1, Kit.join(importing(imported("a", "v", 3, I, 0), imported("a", "v", 3, L, 0)),
+                large));
+        links("its place is 0", x, 44, 0, Kit.join(importing(imported("a", "v", 3, I, 0), imported("a", "v", 3, I, 0)),
+                large));
         links("it comes before 45", x, 44, 0, Kit.module(Kit.section(4, 1, 112, 0, Kit.count(16385)),
                 Kit.section(9, 2, 0, Kit.i32(0), 11, 0, 0, Kit.i32(-1), 11, 0)));
-        links("it comes before 46", x, 44, 0, Kit.module(large, Kit.section(11, 2, 0, Kit.i32(0), 11, 0, 0, Kit.i32(-1), 11, 0)));
+        links("it comes before 46", x, 44, 0, Kit.module(large, Kit.section(11, 2, 0, Kit.i32(0), 11, 0, 0, Kit.i32(-1),
+                11, 0)));
     }
 
     private static void newThings() {
@@ -463,12 +481,12 @@ public final class InstancesTest {
         StackHost x = new StackHost();
         Kit.name(x, Kit.instance(x, Kit.module(Kit.section(6, 2, I, 0, Kit.i32(-5), 11, D, 0, Kit.f64(-2.5), 11),
                 Kit.sectionOf(7, Kit.export("v", 3, 0), Kit.export("w", 3, 1)))), "a");
-        int made = Kit.instance(x, Kit.module(Kit.sectionOf(2, imported("a", "w", 3, D, 0), imported("a", "v", 3, I, 0)),
-                Kit.section(4, 1, 112, 0, 3), Kit.section(5, 1, 0, 1),
-                Kit.section(6, 6, I, 1, Kit.i32(-1), 11, L, 0, Kit.i64(-1), 11, F, 0, Kit.f32(-0f), 11, D, 1, Kit.f64(1), 11, I, 1, 0x23, 1,
-                        11, D, 0, 0x23, 0, 11)));
-        long[] due = {Double.doubleToRawLongBits(-2.5), 0xFFFFFFFBL, 0xFFFFFFFFL, -1, 0x80000000L, Double.doubleToRawLongBits(1),
-            0xFFFFFFFBL, Double.doubleToRawLongBits(-2.5)};
+        int made = Kit.instance(x, Kit.module(Kit.sectionOf(2, imported("a", "w", 3, D, 0),
+                imported("a", "v", 3, I, 0)), Kit.section(4, 1, 112, 0, 3), Kit.section(5, 1, 0, 1),
+                Kit.section(6, 6, I, 1, Kit.i32(-1), 11, L, 0, Kit.i64(-1), 11, F, 0, Kit.f32(-0f), 11, D, 1,
+                Kit.f64(1), 11, I, 1, 0x23, 1, 11, D, 0, 0x23, 0, 11)));
+        long[] due = {Double.doubleToRawLongBits(-2.5), 0xFFFFFFFBL, 0xFFFFFFFFL, -1, 0x80000000L,
+                Double.doubleToRawLongBits(1), 0xFFFFFFFBL, Double.doubleToRawLongBits(-2.5)};
         for (int k = 0; k < due.length; k++) {
             Kit.same("variable(" + k + ")", x.variable(made, k), due[k]);
         }
@@ -488,13 +506,13 @@ public final class InstancesTest {
     private static void nothingOfEarlierOnes() {
         Kit.sentence("those imported, which are others' or the host's, and its own");
         StackHost x = new StackHost();
-        int owner = Kit.instance(x, Kit.module(Kit.sectionOf(1, VOID_TYPE), Kit.section(3, 1, 0), Kit.section(4, 1, 112, 0, 5),
-                Kit.section(5, 1, 0, 2), Kit.section(6, 1, I, 0, Kit.i32(0), 11),
-                Kit.sectionOf(7, Kit.export("t", 1, 0), Kit.export("m", 2, 0), Kit.export("v", 3, 0), Kit.export("f", 0, 0)),
-                Kit.sectionOf(10, Kit.body())));
+        int owner = Kit.instance(x, Kit.module(Kit.sectionOf(1, VOID_TYPE), Kit.section(3, 1, 0),
+                Kit.section(4, 1, 112, 0, 5), Kit.section(5, 1, 0, 2), Kit.section(6, 1, I, 0, Kit.i32(0), 11),
+                Kit.sectionOf(7, Kit.export("t", 1, 0), Kit.export("m", 2, 0), Kit.export("v", 3, 0),
+                Kit.export("f", 0, 0)), Kit.sectionOf(10, Kit.body())));
         Kit.name(x, owner, "o");
-        byte[] all = Kit.sectionOf(2, imported("o", "t", 1, 112, 0, 0), imported("o", "m", 2, 0, 0), imported("o", "v", 3, I, 0),
-                imported("o", "f", 0, 0));
+        byte[] all = Kit.sectionOf(2, imported("o", "t", 1, 112, 0, 0), imported("o", "m", 2, 0, 0),
+                imported("o", "v", 3, I, 0), imported("o", "f", 0, 0));
         byte[] importing = Kit.module(Kit.sectionOf(1, VOID_TYPE), all);
         byte[] failing = Kit.module(Kit.sectionOf(1, VOID_TYPE), all, Kit.section(11, 1, 0, Kit.i32(-1), 11, 0));
         for (byte[] before : new byte[][] {importing, failing}) {
@@ -504,11 +522,14 @@ public final class InstancesTest {
             Kit.outside("and no table", () -> x.element(none, 0));
             Kit.outside("and no variable", () -> x.variable(none, 0));
             links("one that imports all", x, before == importing ? 0 : 46, 0, before);
-            links("the rows of one with a smaller table", x, 45, 0, Kit.module(Kit.section(4, 1, 112, 0, 1), Kit.section(9, 1, 0, Kit.i32(2), 11, 0)));
+            links("the rows of one with a smaller table", x, 45, 0, Kit.module(Kit.section(4, 1, 112, 0, 1),
+                    Kit.section(9, 1, 0, Kit.i32(2), 11, 0)));
             links("one that imports all", x, before == importing ? 0 : 46, 0, before);
-            links("the rows of one with a smaller memory", x, 46, 0, Kit.module(Kit.section(5, 1, 0, 1), Kit.section(11, 1, 0, Kit.i32(65537), 11, 0)));
+            links("the rows of one with a smaller memory", x, 46, 0, Kit.module(Kit.section(5, 1, 0, 1),
+                    Kit.section(11, 1, 0, Kit.i32(65537), 11, 0)));
             links("one that imports all", x, before == importing ? 0 : 46, 0, before);
-            links("the rows of one with a larger table", x, 0, 0, Kit.module(Kit.section(4, 1, 112, 0, 9), Kit.section(9, 1, 0, Kit.i32(9), 11, 0)));
+            links("the rows of one with a larger table", x, 0, 0, Kit.module(Kit.section(4, 1, 112, 0, 9),
+                    Kit.section(9, 1, 0, Kit.i32(9), 11, 0)));
         }
     }
 
@@ -523,8 +544,8 @@ public final class InstancesTest {
     }
 
     private static void elementsBeyond() {
-        Kit.sentence("45: the offset (u) and the length of a row of section 9 together are more than the table has (place: the row's "
-                + "number)");
+        Kit.sentence("45: the offset (u) and the length of a row of section 9 together are more than the table has "
+                + "(place: the row's number)");
         StackHost x = new StackHost();
         links("up to the end", x, 0, 0, withRows(Kit.sectionOf(9, row(Kit.i32(3), 0, 0)), NOTHING));
         links("beyond the end", x, 45, 0, withRows(Kit.sectionOf(9, row(Kit.i32(4), 0, 0)), NOTHING));
@@ -532,9 +553,12 @@ public final class InstancesTest {
         links("one too many", x, 45, 0, withRows(Kit.sectionOf(9, row(Kit.i32(0), 0, 0, 0, 0, 0, 0)), NOTHING));
         links("nothing at the end", x, 0, 0, withRows(Kit.sectionOf(9, row(Kit.i32(5))), NOTHING));
         links("nothing beyond the end", x, 45, 0, withRows(Kit.sectionOf(9, row(Kit.i32(6))), NOTHING));
-        links("an offset has no sign", x, 45, 1, withRows(Kit.sectionOf(9, row(Kit.i32(0)), row(Kit.i32(-1), 0)), NOTHING));
-        links("an offset has no sign, and nothing", x, 45, 0, withRows(Kit.sectionOf(9, row(Kit.i32(Integer.MIN_VALUE))), NOTHING));
-        links("the first of two", x, 45, 1, withRows(Kit.sectionOf(9, row(Kit.i32(0)), row(Kit.i32(6)), row(Kit.i32(7))), NOTHING));
+        links("an offset has no sign", x, 45, 1, withRows(Kit.sectionOf(9, row(Kit.i32(0)), row(Kit.i32(-1), 0)),
+                NOTHING));
+        links("an offset has no sign, and nothing", x, 45, 0, withRows(Kit.sectionOf(9,
+                row(Kit.i32(Integer.MIN_VALUE))), NOTHING));
+        links("the first of two", x, 45, 1, withRows(Kit.sectionOf(9, row(Kit.i32(0)), row(Kit.i32(6)),
+                row(Kit.i32(7))), NOTHING));
         links("of an empty table", x, 0, 0, Kit.module(4, 4, 1, 112, 0, 0, Kit.sectionOf(9, row(Kit.i32(0)))));
         links("beyond an empty table", x, 45, 0, Kit.module(4, 4, 1, 112, 0, 0, Kit.sectionOf(9, row(Kit.i32(1)))));
         // Of an imported table what counts is how many it has, not what the import asks for.
@@ -550,8 +574,8 @@ public final class InstancesTest {
         links("up to the end", x, 0, 0, withRows(NOTHING, Kit.sectionOf(11, row(Kit.i32(65534), 1, 2))));
         links("beyond the end", x, 46, 0, withRows(NOTHING, Kit.sectionOf(11, row(Kit.i32(65535), 1, 2))));
         links("nothing at the end", x, 0, 0, withRows(NOTHING, Kit.sectionOf(11, row(Kit.i32(65536)))));
-        links("nothing beyond the end", x, 46, 2, withRows(NOTHING, Kit.sectionOf(11, row(Kit.i32(0)), row(Kit.i32(1), 5),
-                row(Kit.i32(65537)))));
+        links("nothing beyond the end", x, 46, 2, withRows(NOTHING, Kit.sectionOf(11, row(Kit.i32(0)),
+                row(Kit.i32(1), 5), row(Kit.i32(65537)))));
         links("an offset has no sign", x, 46, 0, withRows(NOTHING, Kit.sectionOf(11, row(Kit.i32(-1), 1))));
         links("45 comes before", x, 45, 1, withRows(Kit.sectionOf(9, row(Kit.i32(0), 0), row(Kit.i32(9), 0)),
                 Kit.sectionOf(11, row(Kit.i32(-1), 1))));
@@ -567,13 +591,14 @@ public final class InstancesTest {
         Kit.same("peek", x.peek(grown, 65536), 7);
         // An offset that is a variable's value.
         Kit.name(x, Kit.instance(x, constantly(4)), "a");
-        byte[] placed = Kit.join(importing(imported("a", "v", 3, I, 0)), 5, 3, 1, 0, 1, Kit.sectionOf(11, row(Kit.bytes(0x23, 0), 9)));
+        byte[] placed = Kit.join(importing(imported("a", "v", 3, I, 0)), 5, 3, 1, 0, 1,
+                Kit.sectionOf(11, row(Kit.bytes(0x23, 0), 9)));
         Kit.same("an offset from a variable", x.peek(Kit.instance(x, placed), 4), 9);
     }
 
     private static void nothingIsChanged() {
-        Kit.sentence("All rows of section 9, then all of section 11 are looked at before anything is written; with a fault there is no "
-                + "instance, and nothing is changed.");
+        Kit.sentence("All rows of section 9, then all of section 11 are looked at before anything is written; with a "
+                + "fault there is no instance, and nothing is changed.");
         StackHost x = new StackHost();
         int made = Kit.instance(x, Kit.module(4, 4, 1, 112, 0, 5, 5, 3, 1, 0, 1,
                 Kit.sectionOf(7, Kit.export("t", 1, 0), Kit.export("m", 2, 0))));
@@ -581,8 +606,8 @@ public final class InstancesTest {
         byte[] imports = Kit.sectionOf(2, imported("a", "t", 1, 112, 0, 0), imported("a", "m", 2, 0, 0));
         byte[] head = Kit.join(Kit.sectionOf(1, VOID_TYPE), imports, 3, 2, 1, 0);
         byte[] code = Kit.sectionOf(10, Kit.body());
-        links("the second row of elements", x, 45, 1, Kit.module(head, Kit.sectionOf(9, row(Kit.i32(0), 0), row(Kit.i32(5), 0)), code,
-                Kit.sectionOf(11, row(Kit.i32(0), 7))));
+        links("the second row of elements", x, 45, 1, Kit.module(head, Kit.sectionOf(9, row(Kit.i32(0), 0),
+                row(Kit.i32(5), 0)), code, Kit.sectionOf(11, row(Kit.i32(0), 7))));
         links("the second row of data", x, 46, 1, Kit.module(head, Kit.sectionOf(9, row(Kit.i32(0), 0)), code,
                 Kit.sectionOf(11, row(Kit.i32(0), 7), row(Kit.i32(65536), 7))));
         Kit.same("no element", x.element(made, 0), -1);
@@ -608,9 +633,10 @@ public final class InstancesTest {
     private static void rowByRow() {
         Kit.sentence("Then they are written, row by row");
         StackHost x = new StackHost();
-        int made = Kit.instance(x, Kit.module(Kit.sectionOf(1, VOID_TYPE), 3, 3, 2, 0, 0, 4, 4, 1, 112, 0, 5, 5, 3, 1, 0, 1,
-                Kit.sectionOf(9, row(Kit.i32(0), 0, 0, 0), row(Kit.i32(2), 1, 1)), Kit.sectionOf(10, Kit.body(), Kit.body()),
-                Kit.sectionOf(11, row(Kit.i32(2), 1, 2, 3, 255), row(Kit.i32(3), 9, 8))));
+        int made = Kit.instance(x, Kit.module(Kit.sectionOf(1, VOID_TYPE), 3, 3, 2, 0, 0, 4, 4, 1, 112, 0, 5, 5, 3, 1,
+                0, 1, Kit.sectionOf(9, row(Kit.i32(0), 0, 0, 0), row(Kit.i32(2), 1, 1)),
+                Kit.sectionOf(10, Kit.body(), Kit.body()), Kit.sectionOf(11, row(Kit.i32(2), 1, 2, 3, 255),
+                row(Kit.i32(3), 9, 8))));
         int[] bytes = {0, 0, 1, 9, 8, 255, 0};
         for (int k = 0; k < bytes.length; k++) {
             Kit.same("peek(" + k + ")", x.peek(made, k), bytes[k]);
@@ -633,18 +659,19 @@ public final class InstancesTest {
         x.invoke(made, 0);
         Kit.same("run", x.run(16000), 2);
         Kit.same("stop", x.stop(), 1);
-        Kit.instance(x, Kit.module(Kit.sectionOf(1, VOID_TYPE), 3, 2, 1, 0, 8, 1, 0, Kit.sectionOf(10, Kit.body(tall))));
+        Kit.instance(x, Kit.module(Kit.sectionOf(1, VOID_TYPE), 3, 2, 1, 0, 8, 1, 0,
+                Kit.sectionOf(10, Kit.body(tall))));
         Kit.same("a start with a room of 16384", x.run(1000000), 0);
     }
 
     private static void starting() {
-        Kit.sentence("and the function that starts, if there is one, is INVOKED (part 6), without arguments: those that were pushed stay "
-                + "for the next invoke()");
+        Kit.sentence("and the function that starts, if there is one, is INVOKED (part 6), without arguments: those "
+                + "that were pushed stay for the next invoke()");
         StackHost x = new StackHost();
-        byte[] module = Kit.module(Kit.sectionOf(1, VOID_TYPE, Kit.type(Kit.of(I, I), I)), Kit.section(3, 2, 0, 1), 5, 3, 1, 0, 1,
-                Kit.section(6, 1, I, 1, Kit.i32(1), 11), Kit.sectionOf(7, Kit.export("f", 0, 0), Kit.export("g", 0, 1)), 8, 1, 0,
-                Kit.sectionOf(10, Kit.body(0x23, 0, Kit.i32(0), 0x2D, 0, 0, 0x6A, 0x24, 0), Kit.body(0x20, 0, 0x20, 1, 0x6B)),
-                Kit.sectionOf(11, row(Kit.i32(0), 2)));
+        byte[] module = Kit.module(Kit.sectionOf(1, VOID_TYPE, Kit.type(Kit.of(I, I), I)), Kit.section(3, 2, 0, 1), 5,
+                3, 1, 0, 1, Kit.section(6, 1, I, 1, Kit.i32(1), 11), Kit.sectionOf(7, Kit.export("f", 0, 0),
+                Kit.export("g", 0, 1)), 8, 1, 0, Kit.sectionOf(10, Kit.body(0x23, 0, Kit.i32(0), 0x2D, 0, 0, 0x6A, 0x24,
+                0), Kit.body(0x20, 0, 0x20, 1, 0x6B)), Kit.sectionOf(11, row(Kit.i32(0), 2)));
         Kit.load(x, module);
         x.push(50);
         x.push(8);
@@ -665,19 +692,21 @@ public final class InstancesTest {
         Kit.same("it is an instance all the same", x.variable(1, 0), 1);
         // One that traps is an instance, too; one that is imported.
         StackHost y = new StackHost();
-        int trapping = Kit.instance(y, Kit.module(Kit.sectionOf(1, VOID_TYPE), 3, 2, 1, 0, Kit.sectionOf(7, Kit.export("f", 0, 0)), 8, 1, 0,
-                Kit.sectionOf(10, Kit.body(0))));
+        int trapping = Kit.instance(y, Kit.module(Kit.sectionOf(1, VOID_TYPE), 3, 2, 1, 0,
+                Kit.sectionOf(7, Kit.export("f", 0, 0)), 8, 1, 0, Kit.sectionOf(10, Kit.body(0))));
         Kit.same("run", y.run(1), 1);
         Kit.same("trap(0)", y.trap(0), 1);
         Kit.name(y, trapping, "a");
-        int importing = Kit.instance(y, Kit.module(Kit.sectionOf(1, VOID_TYPE), Kit.sectionOf(2, imported("a", "f", 0, 0)), 8, 1, 0));
+        int importing = Kit.instance(y, Kit.module(Kit.sectionOf(1, VOID_TYPE), Kit.sectionOf(2,
+                imported("a", "f", 0, 0)), 8, 1, 0));
         Kit.same("two", importing, 1);
         Kit.same("run", y.run(1), 1);
         Kit.same("trap(1)", y.trap(1), 0);
         startsWithNothingOpen();
         // With a fault nothing is invoked; without one that starts, too.
         StackHost z = new StackHost();
-        Kit.load(z, Kit.module(Kit.sectionOf(1, VOID_TYPE), 3, 2, 1, 0, 5, 3, 1, 0, 17, 8, 1, 0, Kit.sectionOf(10, Kit.body(0))));
+        Kit.load(z, Kit.module(Kit.sectionOf(1, VOID_TYPE), 3, 2, 1, 0, 5, 3, 1, 0, 17, 8, 1, 0,
+                Kit.sectionOf(10, Kit.body(0))));
         Kit.same("instantiate", z.instantiate(0), -1);
         Kit.illegalState("nothing is under way", () -> z.run(1));
         Kit.instance(z, Kit.single(VOID_TYPE, Kit.body(0)));

@@ -108,7 +108,8 @@ public final class InstructionsTest {
             boolean opens = op >= 2 && op <= 5 || op == 0x0B;
             if (!opens && writtenWith(op) == null) {
                 // A body's instructions begin at place 23.
-                Kit.faults("byte " + op, Kit.module(Kit.sectionOf(1, VOID_TYPE), 3, 2, 1, 0, Kit.section(10, 1, Kit.body(op))), 5, 23);
+                Kit.faults("byte " + op, Kit.module(Kit.sectionOf(1, VOID_TYPE), 3, 2, 1, 0,
+                        Kit.section(10, 1, Kit.body(op))), 5, 23);
                 Kit.faults("byte " + op + " behind another", Kit.module(Kit.sectionOf(1, VOID_TYPE), 3, 2, 1, 0,
                         Kit.section(10, 1, Kit.body(1, op, op))), 5, 24);
                 Kit.faults("byte " + op + " in section 6", Kit.module(Kit.section(6, 1, I, 0, op, 11)), 5, 13);
@@ -121,8 +122,8 @@ public final class InstructionsTest {
         for (int number : new int[] {0, 1, -1, 63, 64, -64, -65, Integer.MAX_VALUE, Integer.MIN_VALUE}) {
             gives("0x41", I, number & 0xFFFFFFFFL, Kit.i32(number));
         }
-        for (long number : new long[] {0, 1, -1, 63, 64, -64, -65, 0x123456789ABCDEFL, Integer.MIN_VALUE, 1L << 31, 1L << 32,
-            Long.MAX_VALUE, Long.MIN_VALUE}) {
+        for (long number : new long[] {0, 1, -1, 63, 64, -64, -65, 0x123456789ABCDEFL, Integer.MIN_VALUE, 1L << 31,
+                1L << 32, Long.MAX_VALUE, Long.MIN_VALUE}) {
             gives("0x42", L, number, Kit.i64(number));
         }
         for (long bits : new long[] {0, 0x80000000L, 0x3F800000L, 0x7F800001L, 0xFFFFFFFFL}) {
@@ -148,12 +149,11 @@ public final class InstructionsTest {
         Kit.sentence("0x20 .. 0x24: a local, or a variable, is put, set, set and put again; put, set.");
         StackHost x = new StackHost();
         int made = Kit.instance(x, Kit.module(Kit.sectionOf(1, Kit.type(Kit.of(I, I), I)), 3, 6, 5, 0, 0, 0, 0, 0,
-                Kit.section(6, 2, I, 1, Kit.i32(5), 11, I, 1, Kit.i32(6), 11),
-                Kit.sectionOf(7, Kit.export("a", 0, 0), Kit.export("b", 0, 1), Kit.export("c", 0, 2), Kit.export("d", 0, 3),
-                        Kit.export("e", 0, 4)),
+                Kit.section(6, 2, I, 1, Kit.i32(5), 11, I, 1, Kit.i32(6), 11), Kit.sectionOf(7, Kit.export("a", 0, 0),
+                Kit.export("b", 0, 1), Kit.export("c", 0, 2), Kit.export("d", 0, 3), Kit.export("e", 0, 4)),
                 Kit.sectionOf(10, Kit.body(0x20, 1, 0x20, 0, 0x6B), Kit.body(0x20, 0, 0x21, 1, 0x20, 1),
-                        Kit.body(0x20, 0, 0x22, 1, 0x20, 1, 0x6A), Kit.body(0x23, 1, 0x23, 0, 0x6B),
-                        Kit.body(0x20, 0, 0x24, 1, 0x23, 1))));
+                Kit.body(0x20, 0, 0x22, 1, 0x20, 1, 0x6A), Kit.body(0x23, 1, 0x23, 0, 0x6B),
+                Kit.body(0x20, 0, 0x24, 1, 0x23, 1))));
         long[] due = {100, 7, 14, 1, 7};
         for (int k = 0; k < due.length; k++) {
             Kit.same("run", Kit.callOf(x, made, k, 7, 107), 0);
@@ -161,8 +161,8 @@ public final class InstructionsTest {
         }
         Kit.same("a variable that was set", x.variable(made, 1), 7);
         Kit.same("one that was not", x.variable(made, 0), 5);
-        int wide = Kit.instance(x, Kit.single(Kit.type(Kit.of(), I), Kit.bodyWith(300, I, Kit.i32(9), 0x21, Kit.count(299), 0x20,
-                Kit.count(298), 0x20, Kit.count(299), 0x6A)));
+        int wide = Kit.instance(x, Kit.single(Kit.type(Kit.of(), I), Kit.bodyWith(300, I, Kit.i32(9), 0x21,
+                Kit.count(299), 0x20, Kit.count(298), 0x20, Kit.count(299), 0x6A)));
         Kit.callOf(x, wide, 0);
         Kit.same("a local of a high number", x.result(), 9);
     }
@@ -178,8 +178,8 @@ public final class InstructionsTest {
     }
 
     private static void openings() {
-        Kit.sentence("0x02 and 0x03 open, and so does 0x04 if the I that it takes is not 0; else it goes on behind its 0x05 (which "
-                + "opens then), or, without one, behind its end.");
+        Kit.sentence("0x02 and 0x03 open, and so does 0x04 if the I that it takes is not 0; else it goes on behind "
+                + "its 0x05 (which opens then), or, without one, behind its end.");
         gives("0x02", I, 5, 2, I, Kit.i32(5), 11);
         gives("0x03", I, 5, 3, I, Kit.i32(5), 11);
         gives("0x04 with -1", I, 1, Kit.i32(-1), 4, I, Kit.i32(1), 5, Kit.i32(2), 11);
@@ -187,9 +187,12 @@ public final class InstructionsTest {
         gives("0x04 with 0", I, 2, Kit.i32(0), 4, I, Kit.i32(1), 5, Kit.i32(2), 11);
         gives("0x04 without 0x05, 0", I, 3, Kit.i32(0), 4, 64, 0, 11, Kit.i32(3));
         gives("0x04 without 0x05, 1", I, 4, Kit.i32(1), 4, 64, Kit.i32(4), 0x0F, 11, Kit.i32(3));
-        gives("0x04 in 0x05", I, 5, Kit.i32(0), 4, I, Kit.i32(1), 5, Kit.i32(0), 4, I, Kit.i32(4), 5, Kit.i32(5), 11, 11);
-        gives("behind 0x05 it is open: 0x0C 0 leaves it", I, 6, Kit.i32(0), 4, I, Kit.i32(2), 5, Kit.i32(6), 0x0C, 0, 11);
-        gives("behind its end it is not: 0x0C 0 leaves the one outside", I, 7, 2, I, Kit.i32(0), 4, 64, 11, Kit.i32(7), 0x0C, 0, 11);
+        gives("0x04 in 0x05", I, 5, Kit.i32(0), 4, I, Kit.i32(1), 5, Kit.i32(0), 4, I, Kit.i32(4), 5, Kit.i32(5), 11,
+                11);
+        gives("behind 0x05 it is open: 0x0C 0 leaves it", I, 6, Kit.i32(0), 4, I, Kit.i32(2), 5, Kit.i32(6), 0x0C, 0,
+                11);
+        gives("behind its end it is not: 0x0C 0 leaves the one outside", I, 7, 2, I, Kit.i32(0), 4, 64, 11, Kit.i32(7),
+                0x0C, 0, 11);
         gives("0x04 in 0x04, each without 0x05", I, 8, Kit.i32(0), 4, 64, Kit.i32(1), 4, 64, 0, 11, 0, 11, Kit.i32(8));
     }
 
@@ -197,41 +200,46 @@ public final class InstructionsTest {
         Kit.sentence("At 0x05 it goes to the end of what is open; an end closes it.");
         gives("what is behind 0x05 is left out", I, 1, Kit.i32(1), 4, I, Kit.i32(1), 5, 0, 11);
         gives("and what is behind the end is not", I, 11, Kit.i32(1), 4, I, Kit.i32(1), 5, 0, 11, Kit.i32(10), 0x6A);
-        gives("an inner one behind 0x05 is left out, too", I, 3, Kit.i32(1), 4, 64, 5, Kit.i32(1), 4, 64, 0, 5, 0, 11, 11, Kit.i32(3));
+        gives("an inner one behind 0x05 is left out, too", I, 3, Kit.i32(1), 4, 64, 5, Kit.i32(1), 4, 64, 0, 5, 0, 11,
+                11, Kit.i32(3));
         gives("a closed one is no label", I, 9, 2, I, 2, 64, 11, Kit.i32(9), 0x0C, 0, 11);
     }
 
     private static void branchesToLoops() {
-        Kit.sentence("0x0C goes to its label's thing: if that was opened by 0x03, to just behind 0x03, with no operands above its "
-                + "height, open still");
+        Kit.sentence("0x0C goes to its label's thing: if that was opened by 0x03, to just behind 0x03, with no "
+                + "operands above its height, open still");
         // Each turn leaves two operands above the loop's height; the operand below it is needed when all is done.
         StackHost x = new StackHost();
         int made = Kit.instance(x, Kit.single(Kit.type(Kit.of(I), I), Kit.bodyWith(1, I, Kit.i32(1000), 3, I, 0x20, 1,
-                Kit.i32(1), 0x6A, 0x21, 1, Kit.i32(7), Kit.i32(8), 0x20, 1, 0x20, 0, 0x49, 4, 64, 0x0C, 1, 11, 0x6A, 11, 0x6A, 0x20, 1,
-                0x6A)));
+                Kit.i32(1), 0x6A, 0x21, 1, Kit.i32(7), Kit.i32(8), 0x20, 1, 0x20, 0, 0x49, 4, 64, 0x0C, 1, 11, 0x6A, 11,
+                0x6A, 0x20, 1, 0x6A)));
         for (int turns : new int[] {1, 2, 3, 50, 30000}) {
             Kit.same("run", Kit.callOf(x, made, 0, turns), 0);
             Kit.same("result", x.result(), 1015 + turns);
         }
-        int inner = Kit.instance(x, Kit.single(Kit.type(Kit.of(I), I), Kit.bodyWith(1, I, 3, 64, 2, 64, 0x20, 1, Kit.i32(1), 0x6A,
-                0x22, 1, 0x20, 0, 0x49, 0x0D, 1, 11, 11, 0x20, 1)));
+        int inner = Kit.instance(x, Kit.single(Kit.type(Kit.of(I), I), Kit.bodyWith(1, I, 3, 64, 2, 64, 0x20, 1,
+                Kit.i32(1), 0x6A, 0x22, 1, 0x20, 0, 0x49, 0x0D, 1, 11, 11, 0x20, 1)));
         Kit.same("run", Kit.callOf(x, inner, 0, 9), 0);
         Kit.same("from further in", x.result(), 9);
     }
 
     private static void branchesOut() {
-        Kit.sentence("else to behind its end, closed, with the value of its label type, which is taken first, alone above its height");
+        Kit.sentence("else to behind its end, closed, with the value of its label type, which is taken first, alone "
+                + "above its height");
         gives("0x02", I, 7, 2, I, Kit.i32(7), 0x0C, 0, Kit.i32(9), 11);
         gives("0x02, two out", I, 7, 2, I, 2, I, Kit.i32(7), 0x0C, 1, 11, DROP, Kit.i32(8), 11);
         gives("0x04", I, 6, Kit.i32(1), 4, I, Kit.i32(6), 0x0C, 0, 5, Kit.i32(2), 11);
         gives("0x05", I, 6, Kit.i32(0), 4, I, Kit.i32(2), 5, Kit.i32(6), 0x0C, 0, 11);
         gives("0x04 without 0x05", I, 5, Kit.i32(1), 4, 64, 0x0C, 0, 11, Kit.i32(5));
-        gives("0x02 in 0x04 with 0x05", I, 6, Kit.i32(1), 4, I, 2, 64, Kit.i32(6), 0x0C, 1, 11, Kit.i32(1), 5, Kit.i32(2), 11);
-        gives("what is below the height stays", I, 103, Kit.i32(100), 2, I, Kit.i32(1), Kit.i32(2), Kit.i32(3), 0x0C, 0, 11, 0x6A);
+        gives("0x02 in 0x04 with 0x05", I, 6, Kit.i32(1), 4, I, 2, 64, Kit.i32(6), 0x0C, 1, 11, Kit.i32(1), 5,
+                Kit.i32(2), 11);
+        gives("what is below the height stays", I, 103, Kit.i32(100), 2, I, Kit.i32(1), Kit.i32(2), Kit.i32(3), 0x0C, 0,
+                11, 0x6A);
         gives("without a value all above goes", I, 100, Kit.i32(100), 2, 64, Kit.i32(1), Kit.i32(2), 0x0C, 0, 11);
         gives("it is closed", I, 4, 2, I, 2, 64, 0x0C, 0, 11, Kit.i32(4), 0x0C, 0, 11);
         gives("a value of L", L, -3, Kit.i32(1), 2, L, Kit.i32(2), Kit.i64(-3), 0x0C, 0, 11, 0x0F);
-        gives("what is between goes", I, 103, Kit.i32(100), 2, I, Kit.i32(1), 2, 64, Kit.i32(2), Kit.i32(3), 0x0C, 1, 11, 11, 0x6A);
+        gives("what is between goes", I, 103, Kit.i32(100), 2, I, Kit.i32(1), 2, 64, Kit.i32(2), Kit.i32(3), 0x0C, 1,
+                11, 11, 0x6A);
     }
 
     private static void branchesOutOfTheBody() {
@@ -253,15 +261,16 @@ public final class InstructionsTest {
         }
         gives("with 0", I, 2, 2, I, Kit.i32(1), Kit.i32(0), 0x0D, 0, DROP, Kit.i32(2), 11);
         gives("with 0 its value stays", I, 1, 2, I, Kit.i32(1), Kit.i32(0), 0x0D, 0, 11);
-        gives("what is between goes", I, 103, Kit.i32(100), 2, I, Kit.i32(1), Kit.i32(3), Kit.i32(1), 0x0D, 0, 0x6A, 11, 0x6A);
+        gives("what is between goes", I, 103, Kit.i32(100), 2, I, Kit.i32(1), Kit.i32(3), Kit.i32(1), 0x0D, 0, 0x6A, 11,
+                0x6A);
         gives("to the body", I, 3, Kit.i32(3), Kit.i32(1), 0x0D, 0, DROP, Kit.i32(4));
     }
 
     private static void branchesAmong() {
         Kit.sentence("0x0E takes an I (u): the label of that number of its row, or, if there is none, the last one.");
         StackHost x = new StackHost();
-        byte[] among = Kit.join(2, 64, 2, 64, 2, 64, 0x20, 0, 0x0E, 2, 0, 1, 2, 11, Kit.i32(10), 0x0F, 11, Kit.i32(11), 0x0F, 11,
-                Kit.i32(12));
+        byte[] among = Kit.join(2, 64, 2, 64, 2, 64, 0x20, 0, 0x0E, 2, 0, 1, 2, 11, Kit.i32(10), 0x0F, 11, Kit.i32(11),
+                0x0F, 11, Kit.i32(12));
         int made = instanceOf(x, Kit.type(Kit.of(I), I), among);
         long[] given = {0, 1, 2, 3, 100, 0x7FFFFFFFL, 0x80000000L, 0xFFFFFFFFL};
         long[] due = {10, 11, 12, 12, 12, 12, 12, 12};
@@ -282,7 +291,8 @@ public final class InstructionsTest {
             Kit.callOf(x, wide, 0, k);
             Kit.same("0x0E with long labels, of " + k, x.result(), wideDue[k]);
         }
-        int body = instanceOf(x, Kit.type(Kit.of(I), I), Kit.i32(1), 2, I, Kit.i32(3), 0x20, 0, 0x0E, 1, 1, 0, 11, 0x6A);
+        int body = instanceOf(x, Kit.type(Kit.of(I), I), Kit.i32(1), 2, I, Kit.i32(3), 0x20, 0, 0x0E, 1, 1, 0, 11,
+                0x6A);
         Kit.callOf(x, body, 0, 0);
         Kit.same("the body's own label", x.result(), 3);
         Kit.callOf(x, body, 0, 1);
@@ -306,8 +316,8 @@ public final class InstructionsTest {
         StackHost x = new StackHost();
         int inner = Kit.instance(x, Kit.single(Kit.type(Kit.of(I), I), Kit.body(0x20, 0, Kit.i32(100), 0x6A)));
         Kit.name(x, inner, "in");
-        int made = Kit.instance(x, Kit.module(Kit.sectionOf(1, Kit.type(Kit.of(I), I)), Kit.sectionOf(2, imported("in", "f", 0, 0)),
-                3, 3, 2, 0, 0, Kit.sectionOf(7, Kit.export("f", 0, 2)),
+        int made = Kit.instance(x, Kit.module(Kit.sectionOf(1, Kit.type(Kit.of(I), I)),
+                Kit.sectionOf(2, imported("in", "f", 0, 0)), 3, 3, 2, 0, 0, Kit.sectionOf(7, Kit.export("f", 0, 2)),
                 Kit.sectionOf(10, Kit.body(0x20, 0, Kit.i32(10), 0x6A), Kit.body(0x20, 0, 0x10, 1, 0x10, 0))));
         Kit.same("run", Kit.callOf(x, made, 0, 1), 0);
         Kit.same("its own and an imported one", x.result(), 111);
@@ -317,10 +327,10 @@ public final class InstructionsTest {
         byte[] types = Kit.sectionOf(1, Kit.type(Kit.of(I), I), Kit.type(Kit.of(I), L), Kit.type(Kit.of(I), I),
                 Kit.type(Kit.of(L), I), Kit.type(Kit.of(I, I), I), Kit.type(Kit.of(I)), Kit.type(Kit.of(), I));
         return Kit.module(types, Kit.section(3, 7, 2, 0, 1, 3, 4, 5, 6), Kit.section(4, 1, 112, 0, size),
-                Kit.sectionOf(7, Kit.export("f", 0, 0)),
-                Kit.section(9, 1, 0, Kit.i32(0), 11, Kit.sized(Kit.bytes(functions))),
-                Kit.sectionOf(10, Kit.body(Kit.i32(41), 0x20, 0, 0x11, 2, 0), Kit.body(0x20, 0, Kit.i32(1), 0x6A),
-                        Kit.body(Kit.i64(5)), Kit.body(Kit.i32(5)), Kit.body(Kit.i32(5)), Kit.body(), Kit.body(Kit.i32(5))));
+                Kit.sectionOf(7, Kit.export("f", 0, 0)), Kit.section(9, 1, 0, Kit.i32(0), 11,
+                Kit.sized(Kit.bytes(functions))), Kit.sectionOf(10, Kit.body(Kit.i32(41), 0x20, 0, 0x11, 2, 0),
+                Kit.body(0x20, 0, Kit.i32(1), 0x6A), Kit.body(Kit.i64(5)), Kit.body(Kit.i32(5)), Kit.body(Kit.i32(5)),
+                Kit.body(), Kit.body(Kit.i32(5))));
     }
 
     /** The place of 0x11 in the module above. */
@@ -359,7 +369,8 @@ public final class InstructionsTest {
     }
 
     private static void elementsOfAType() {
-        Kit.sentence("a function whose type must have the parameters and results of the type that is written (trap 8): it is called");
+        Kit.sentence("a function whose type must have the parameters and results of the type that is written (trap "
+                + "8): it is called");
         StackHost x = new StackHost();
         byte[] module = elementCaller(7, 0, 1, 2, 3, 4, 5, 6);
         int made = Kit.instance(x, module);
@@ -370,21 +381,24 @@ public final class InstructionsTest {
             trapIs("another type, " + k, x, 8, 0, 0, elementCallPlace(module));
         }
         // A function of another instance, whose types have other numbers, and one of the host.
-        byte[] table = Kit.module(Kit.sectionOf(1, Kit.type(Kit.of(L)), Kit.type(Kit.of(I))), Kit.sectionOf(2, imported("host", "i", 0, 1)),
-                Kit.section(3, 1, 0), Kit.section(4, 1, 112, 0, 2), Kit.sectionOf(7, Kit.export("t", 1, 0)),
-                Kit.section(9, 1, 0, Kit.i32(0), 11, 2, 0, 1), Kit.sectionOf(10, Kit.body()));
+        byte[] table = Kit.module(Kit.sectionOf(1, Kit.type(Kit.of(L)), Kit.type(Kit.of(I))),
+                Kit.sectionOf(2, imported("host", "i", 0, 1)), Kit.section(3, 1, 0), Kit.section(4, 1, 112, 0, 2),
+                Kit.sectionOf(7, Kit.export("t", 1, 0)), Kit.section(9, 1, 0, Kit.i32(0), 11, 2, 0, 1),
+                Kit.sectionOf(10, Kit.body()));
         Kit.name(x, Kit.instance(x, table), "t");
-        byte[] caller = Kit.module(Kit.sectionOf(1, Kit.type(Kit.of(I))), Kit.sectionOf(2, imported("t", "t", 1, 112, 0, 0)),
-                Kit.section(3, 1, 0), Kit.sectionOf(7, Kit.export("f", 0, 0)), Kit.sectionOf(10, Kit.body(Kit.i32(77), 0x20, 0, 0x11, 0, 0)));
+        byte[] caller = Kit.module(Kit.sectionOf(1, Kit.type(Kit.of(I))), Kit.sectionOf(2,
+                imported("t", "t", 1, 112, 0, 0)), Kit.section(3, 1, 0), Kit.sectionOf(7, Kit.export("f", 0, 0)),
+                Kit.sectionOf(10, Kit.body(Kit.i32(77), 0x20, 0, 0x11, 0, 0)));
         int calling = Kit.instance(x, caller);
         Kit.same("the host's", Kit.callOf(x, calling, 0, 0), 0);
         Kit.same("out(0)", x.out(0), 77);
         Kit.same("another's, of another type under the same number", Kit.callOf(x, calling, 0, 1), 1);
         Kit.same("trap(0)", x.trap(0), 8);
         Kit.same("trap(1) is the caller", x.trap(1), calling);
-        byte[] wrong = Kit.module(Kit.sectionOf(1, Kit.type(Kit.of(I)), Kit.type(Kit.of(I), I)), Kit.sectionOf(2, imported("t", "t", 1, 112, 0, 0)),
-                Kit.section(3, 1, 0), Kit.sectionOf(7, Kit.export("f", 0, 0)),
-                Kit.sectionOf(10, Kit.body(Kit.i32(77), 0x20, 0, 0x11, 1, 0, DROP)));
+        byte[] wrong = Kit.module(Kit.sectionOf(1, Kit.type(Kit.of(I)), Kit.type(Kit.of(I), I)),
+                Kit.sectionOf(2, imported("t", "t", 1, 112, 0, 0)), Kit.section(3, 1, 0),
+                Kit.sectionOf(7, Kit.export("f", 0, 0)), Kit.sectionOf(10, Kit.body(Kit.i32(77), 0x20, 0, 0x11, 1, 0,
+                DROP)));
         Kit.same("the host's with a result", Kit.callOf(x, Kit.instance(x, wrong), 0, 0), 1);
         Kit.same("trap(0)", x.trap(0), 8);
         Kit.same("nothing more is in OUT", x.outs(), 1);
@@ -393,9 +407,9 @@ public final class InstructionsTest {
     private static void parametersAreTaken() {
         Kit.sentence("CALLING: the parameters are taken.");
         StackHost x = new StackHost();
-        int made = Kit.instance(x, Kit.module(Kit.sectionOf(1, Kit.type(Kit.of(), I), Kit.type(Kit.of(I, I), I)), 3, 3, 2, 0, 1,
-                Kit.sectionOf(7, Kit.export("f", 0, 0)),
-                Kit.sectionOf(10, Kit.body(Kit.i32(1000), Kit.i32(30), Kit.i32(7), 0x10, 1, 0x6A), Kit.body(0x20, 0, 0x20, 1, 0x6B))));
+        int made = Kit.instance(x, Kit.module(Kit.sectionOf(1, Kit.type(Kit.of(), I), Kit.type(Kit.of(I, I), I)), 3, 3,
+                2, 0, 1, Kit.sectionOf(7, Kit.export("f", 0, 0)), Kit.sectionOf(10,
+                Kit.body(Kit.i32(1000), Kit.i32(30), Kit.i32(7), 0x10, 1, 0x6A), Kit.body(0x20, 0, 0x20, 1, 0x6B))));
         Kit.same("run", Kit.callOf(x, made, 0), 0);
         Kit.same("in their order, and no more than they", x.result(), 1023);
     }
@@ -403,13 +417,12 @@ public final class InstructionsTest {
     private static void hostCalls() {
         Kit.sentence("A function of the host puts its parameter (its bits) into OUT");
         StackHost x = new StackHost();
-        int made = Kit.instance(x, Kit.module(
-                Kit.sectionOf(1, Kit.type(Kit.of(I)), Kit.type(Kit.of(L)), Kit.type(Kit.of(F)), Kit.type(Kit.of(D)), VOID_TYPE),
-                Kit.sectionOf(2, imported("host", "i", 0, 0), imported("host", "l", 0, 1), imported("host", "f", 0, 2),
-                        imported("host", "d", 0, 3)),
-                Kit.section(3, 1, 4), Kit.sectionOf(7, Kit.export("f", 0, 4)),
-                Kit.sectionOf(10, Kit.body(Kit.i32(-2), 0x10, 0, Kit.i64(-3), 0x10, 1, 0x43, Kit.plain(0xFF800001L, 4), 0x10, 2, 0x44,
-                        Kit.plain(0xFFF0000000000001L, 8), 0x10, 3))));
+        int made = Kit.instance(x, Kit.module( Kit.sectionOf(1, Kit.type(Kit.of(I)), Kit.type(Kit.of(L)),
+                Kit.type(Kit.of(F)), Kit.type(Kit.of(D)), VOID_TYPE), Kit.sectionOf(2, imported("host", "i", 0, 0),
+                imported("host", "l", 0, 1), imported("host", "f", 0, 2), imported("host", "d", 0, 3)),
+                Kit.section(3, 1, 4), Kit.sectionOf(7, Kit.export("f", 0, 4)), Kit.sectionOf(10,
+                Kit.body(Kit.i32(-2), 0x10, 0, Kit.i64(-3), 0x10, 1, 0x43, Kit.plain(0xFF800001L, 4), 0x10, 2, 0x44,
+                Kit.plain(0xFFF0000000000001L, 8), 0x10, 3))));
         Kit.same("run", Kit.callOf(x, made, 0), 0);
         long[] due = {0xFFFFFFFEL, -3, 0xFF800001L, 0xFFF0000000000001L};
         Kit.same("outs", x.outs(), 4);
@@ -421,8 +434,8 @@ public final class InstructionsTest {
     private static void fullOut() {
         Kit.sentence("trap 10 if there are 4096 already");
         StackHost y = new StackHost();
-        byte[] many = Kit.module(Kit.sectionOf(1, Kit.type(Kit.of(I))), Kit.sectionOf(2, imported("host", "i", 0, 0)), 3, 2, 1, 0,
-                Kit.sectionOf(7, Kit.export("i", 0, 0), Kit.export("f", 0, 1)),
+        byte[] many = Kit.module(Kit.sectionOf(1, Kit.type(Kit.of(I))), Kit.sectionOf(2, imported("host", "i", 0, 0)),
+                3, 2, 1, 0, Kit.sectionOf(7, Kit.export("i", 0, 0), Kit.export("f", 0, 1)),
                 Kit.sectionOf(10, Kit.body(3, 64, 0x20, 0, 0x10, 0, 0x20, 0, Kit.i32(1), 0x6B, 0x22, 0, 0x0D, 0, 11)));
         int counting = Kit.instance(y, many);
         Kit.same("4095", Kit.callOf(y, counting, 1, 4095), 0);
@@ -444,8 +457,8 @@ public final class InstructionsTest {
         Kit.sentence("Another one: trap 9 if 200 calls are open");
         StackHost x = new StackHost();
         // Calls itself n times, then answers how often.
-        byte[] module = Kit.single(Kit.type(Kit.of(I), I), Kit.body(0x20, 0, 0x45, 4, I, Kit.i32(0), 5, 0x20, 0, Kit.i32(1),
-                0x6B, 0x10, 0, Kit.i32(1), 0x6A, 11));
+        byte[] module = Kit.single(Kit.type(Kit.of(I), I), Kit.body(0x20, 0, 0x45, 4, I, Kit.i32(0), 5, 0x20, 0,
+                Kit.i32(1), 0x6B, 0x10, 0, Kit.i32(1), 0x6A, 11));
         int made = Kit.instance(x, module);
         Kit.same("200 calls", Kit.callOf(x, made, 0, 199), 0);
         Kit.same("result", x.result(), 199);
@@ -461,9 +474,9 @@ public final class InstructionsTest {
         Kit.same("that call", x.run(1), 1);
         Kit.same("trap(0)", x.trap(0), 9);
         // A function of the host opens no call.
-        byte[] deep = Kit.module(Kit.sectionOf(1, Kit.type(Kit.of(I))), Kit.sectionOf(2, imported("host", "i", 0, 0)), Kit.section(3, 1, 0),
-                Kit.sectionOf(7, Kit.export("f", 0, 1)),
-                Kit.sectionOf(10, Kit.body(0x20, 0, 0x10, 0, 0x20, 0, 4, 64, 0x20, 0, Kit.i32(1), 0x6B, 0x10, 1, 11)));
+        byte[] deep = Kit.module(Kit.sectionOf(1, Kit.type(Kit.of(I))), Kit.sectionOf(2, imported("host", "i", 0, 0)),
+                Kit.section(3, 1, 0), Kit.sectionOf(7, Kit.export("f", 0, 1)), Kit.sectionOf(10,
+                Kit.body(0x20, 0, 0x10, 0, 0x20, 0, 4, 64, 0x20, 0, Kit.i32(1), 0x6B, 0x10, 1, 11)));
         int putting = Kit.instance(x, deep);
         Kit.same("the host's is called with 200 open", Kit.callOf(x, putting, 0, 199), 0);
         Kit.same("outs", x.outs(), 200);
@@ -482,8 +495,8 @@ public final class InstructionsTest {
     }
 
     private static void manyValues() {
-        Kit.sentence("or if all locals and operands of the open calls (without what was taken), its own parameters and locals, and its "
-                + "ROOM are together more than 16384");
+        Kit.sentence("or if all locals and operands of the open calls (without what was taken), its own parameters "
+                + "and locals, and its ROOM are together more than 16384");
         StackHost x = new StackHost();
         int fits = instanceOf(x, VOID_TYPE, tall(16384));
         Kit.same("a room of 16384", Kit.callOf(x, fits, 0), 0);
@@ -500,11 +513,13 @@ public final class InstructionsTest {
         callsAbove(Kit.type(Kit.of(I, I, I)), 3);
         // A call that has ended leaves its room.
         StackHost z = new StackHost();
-        int twice = Kit.instance(z, Kit.module(Kit.sectionOf(1, VOID_TYPE), 3, 3, 2, 0, 0, Kit.sectionOf(7, Kit.export("f", 0, 0)),
-                Kit.sectionOf(10, Kit.body(0x10, 1, 0x10, 1, 0x10, 1), Kit.body(tall(9000)))));
+        int twice = Kit.instance(z, Kit.module(Kit.sectionOf(1, VOID_TYPE), 3, 3, 2, 0, 0,
+                Kit.sectionOf(7, Kit.export("f", 0, 0)), Kit.sectionOf(10, Kit.body(0x10, 1, 0x10, 1, 0x10, 1),
+                Kit.body(tall(9000)))));
         Kit.same("9000 three times", Kit.callOf(z, twice, 0), 0);
-        int early = Kit.instance(z, Kit.module(Kit.sectionOf(1, VOID_TYPE), 3, 3, 2, 0, 0, Kit.sectionOf(7, Kit.export("f", 0, 0)),
-                Kit.sectionOf(10, Kit.body(0x10, 1, tall(9000), 0x10, 1), Kit.body(tall(9000)))));
+        int early = Kit.instance(z, Kit.module(Kit.sectionOf(1, VOID_TYPE), 3, 3, 2, 0, 0,
+                Kit.sectionOf(7, Kit.export("f", 0, 0)), Kit.sectionOf(10, Kit.body(0x10, 1, tall(9000), 0x10, 1),
+                Kit.body(tall(9000)))));
         Kit.same("a caller's room is not counted before it is used", Kit.callOf(z, early, 0), 0);
     }
 
@@ -521,7 +536,8 @@ public final class InstructionsTest {
             int made = Kit.instance(y, Kit.module(Kit.sectionOf(1, type, Kit.type(Kit.of(I, I))), 3, 3, 2, 0, 1,
                     Kit.sectionOf(7, Kit.export("f", 0, 0)),
                     Kit.sectionOf(10, Kit.body(up, 0x10, 1, down), Kit.bodyWith(1, I, tall(5)))));
-            // Without the two that are taken, n - 2; two parameters, one local, and 5: n + 6 in all, and its own locals.
+            // Without the two that are taken, n - 2; two parameters, one local, and 5: n + 6 in all, and its own
+            // locals.
             boolean enough = parameters + n + 6 <= 16384;
             Kit.same("n = " + n, Kit.callOf(y, made, 0, new long[parameters]), enough ? 0 : 1);
             Kit.same("trap(0)", enough ? 9 : y.trap(0), 9);
@@ -529,17 +545,18 @@ public final class InstructionsTest {
     }
 
     private static void newCalls() {
-        Kit.sentence("Otherwise a call of it is opened: in its instance, with the locals, parameters first, the others 0, and no "
-                + "operands.");
+        Kit.sentence("Otherwise a call of it is opened: in its instance, with the locals, parameters first, the "
+                + "others 0, and no operands.");
         StackHost x = new StackHost();
-        byte[] inner = Kit.module(Kit.sectionOf(1, Kit.type(Kit.of(I), I)), 3, 2, 1, 0, Kit.section(6, 1, I, 1, Kit.i32(7000), 11),
-                Kit.sectionOf(7, Kit.export("f", 0, 0)),
-                Kit.sectionOf(10, Kit.bodyWith(3, I, 0x20, 3, 0x20, 2, 0x6A, 0x20, 1, 0x6A, 0x20, 0, 0x6A, 0x23, 0, 0x6A, Kit.i32(99),
-                        0x22, 1, 0x22, 2, 0x21, 3)));
+        byte[] inner = Kit.module(Kit.sectionOf(1, Kit.type(Kit.of(I), I)), 3, 2, 1, 0,
+                Kit.section(6, 1, I, 1, Kit.i32(7000), 11), Kit.sectionOf(7, Kit.export("f", 0, 0)),
+                Kit.sectionOf(10, Kit.bodyWith(3, I, 0x20, 3, 0x20, 2, 0x6A, 0x20, 1, 0x6A, 0x20, 0, 0x6A, 0x23, 0,
+                0x6A, Kit.i32(99), 0x22, 1, 0x22, 2, 0x21, 3)));
         Kit.name(x, Kit.instance(x, inner), "in");
-        int made = Kit.instance(x, Kit.module(Kit.sectionOf(1, Kit.type(Kit.of(I), I)), Kit.sectionOf(2, imported("in", "f", 0, 0)), 3, 2, 1,
-                0, Kit.section(6, 1, I, 1, Kit.i32(3), 11), Kit.sectionOf(7, Kit.export("f", 0, 1)),
-                Kit.sectionOf(10, Kit.body(Kit.i32(55), DROP, 0x20, 0, 0x10, 0, 0x20, 0, 0x10, 0, 0x6A, 0x23, 0, 0x6A))));
+        int made = Kit.instance(x, Kit.module(Kit.sectionOf(1, Kit.type(Kit.of(I), I)),
+                Kit.sectionOf(2, imported("in", "f", 0, 0)), 3, 2, 1, 0, Kit.section(6, 1, I, 1, Kit.i32(3), 11),
+                Kit.sectionOf(7, Kit.export("f", 0, 1)), Kit.sectionOf(10, Kit.body(Kit.i32(55), DROP, 0x20, 0, 0x10, 0,
+                0x20, 0, 0x10, 0, 0x6A, 0x23, 0, 0x6A))));
         for (int turn = 0; turn < 3; turn++) {
             Kit.same("run", Kit.callOf(x, made, 0, 10), 0);
             Kit.same("twice the other's variable and the parameter, and its own variable", x.result(), 2 * 7010 + 3);
@@ -551,8 +568,8 @@ public final class InstructionsTest {
         StackHost x = new StackHost();
         int made = Kit.instance(x, Kit.module(Kit.sectionOf(1, Kit.type(Kit.of(), I), VOID_TYPE, Kit.type(Kit.of(), L)),
                 Kit.section(3, 4, 0, 0, 1, 2), Kit.sectionOf(7, Kit.export("f", 0, 0)),
-                Kit.sectionOf(10, Kit.body(Kit.i32(1), 0x10, 1, 0x10, 2, 0x6A, 0x10, 3, 0xA7, 0x6A), Kit.body(Kit.i32(20)),
-                        Kit.body(Kit.i32(5), DROP), Kit.body(Kit.i64(-1)))));
+                Kit.sectionOf(10, Kit.body(Kit.i32(1), 0x10, 1, 0x10, 2, 0x6A, 0x10, 3, 0xA7, 0x6A),
+                Kit.body(Kit.i32(20)), Kit.body(Kit.i32(5), DROP), Kit.body(Kit.i64(-1)))));
         Kit.same("run", Kit.callOf(x, made, 0), 0);
         Kit.same("1 + 20 - 1", x.result(), 20);
     }

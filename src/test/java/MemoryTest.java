@@ -26,7 +26,8 @@ public final class MemoryTest {
 
     private static byte[] loader(int op, long offset) {
         return Kit.module(Kit.sectionOf(1, Kit.type(Kit.of(I), TYPES[op - 0x28])), 3, 2, 1, 0, 5, 3, 1, 0, 1,
-                Kit.sectionOf(7, Kit.export("f", 0, 0)), Kit.sectionOf(10, Kit.body(0x20, 0, op, 0, Kit.count(offset))));
+                Kit.sectionOf(7, Kit.export("f", 0, 0)), Kit.sectionOf(10, Kit.body(0x20, 0, op, 0,
+                Kit.count(offset))));
     }
 
     private static byte[] storer(int op, long offset) {
@@ -49,7 +50,8 @@ public final class MemoryTest {
     private static void loads() {
         Kit.sentence("LOADS (type, bytes, and s or u where they are fewer)");
         long[] patterns = {0x8877665544332211L, 0x7FFFFFFFFFFFFFFFL, 0x0102030405060780L, 0x01020304FF06807FL,
-            0x7FF0000000000001L, 0x123456787F800001L, 0x0000000080000000L, 0x0000000000008000L, 0x0000000000000080L, -1L};
+                0x7FF0000000000001L, 0x123456787F800001L, 0x0000000080000000L, 0x0000000000008000L, 0x0000000000000080L,
+                -1L};
         for (int op = 0x28; op <= 0x35; op++) {
             StackHost x = new StackHost();
             int made = Kit.instance(x, loader(op, 3));
@@ -146,7 +148,8 @@ public final class MemoryTest {
             StackHost x = new StackHost();
             int made = Kit.instance(x, using(op, 0));
             int size = SIZES[op - 0x28];
-            for (long place : new long[] {65536, 0x7FFFFFFFL, 0x80000000L, 0xFFFFFFFFL - size, 0xFFFFFFFFL - size + 1, 0xFFFFFFFFL}) {
+            for (long place : new long[] {65536, 0x7FFFFFFFL, 0x80000000L, 0xFFFFFFFFL - size, 0xFFFFFFFFL - size + 1,
+                    0xFFFFFFFFL}) {
                 Kit.same("the I has no sign, " + op, trying(x, made, op, place), 1);
                 Kit.same("trap(0)", x.trap(0), 2);
             }
@@ -183,11 +186,11 @@ public final class MemoryTest {
         Kit.sentence("The lowest byte is first.");
         // The memory's second page is not the one behind its first among all pages.
         StackHost x = new StackHost();
-        byte[] module = Kit.module(Kit.sectionOf(1, Kit.type(Kit.of(I), L), Kit.type(Kit.of(I, L)), Kit.type(Kit.of(I), I)),
-                Kit.section(3, 3, 0, 1, 2), 5, 3, 1, 0, 1,
+        byte[] module = Kit.module(Kit.sectionOf(1, Kit.type(Kit.of(I), L), Kit.type(Kit.of(I, L)),
+                Kit.type(Kit.of(I), I)), Kit.section(3, 3, 0, 1, 2), 5, 3, 1, 0, 1,
                 Kit.sectionOf(7, Kit.export("l", 0, 0), Kit.export("s", 0, 1), Kit.export("g", 0, 2)),
                 Kit.sectionOf(10, Kit.body(0x20, 0, 0x29, 0, 0), Kit.body(0x20, 0, 0x20, 1, 0x37, 0, 0),
-                        Kit.body(0x20, 0, 0x40, 0)));
+                Kit.body(0x20, 0, 0x40, 0)));
         int first = Kit.instance(x, module);
         int second = x.instantiate(0);
         Kit.callOf(x, first, 2, 1);
@@ -208,8 +211,8 @@ public final class MemoryTest {
 
     private static byte[] grower(int... limits) {
         return Kit.module(Kit.sectionOf(1, Kit.type(Kit.of(I), I)), 3, 3, 2, 0, 0, Kit.section(5, 1, Kit.bytes(limits)),
-                Kit.sectionOf(7, Kit.export("g", 0, 0), Kit.export("s", 0, 1)),
-                Kit.sectionOf(10, Kit.body(Kit.i32(500), 0x20, 0, 0x40, 0, 0x0F), Kit.body(Kit.i32(500), 0x3F, 0, 0x0F)));
+                Kit.sectionOf(7, Kit.export("g", 0, 0), Kit.export("s", 0, 1)), Kit.sectionOf(10,
+                Kit.body(Kit.i32(500), 0x20, 0, 0x40, 0, 0x0F), Kit.body(Kit.i32(500), 0x3F, 0, 0x0F)));
     }
 
     private static void grows(StackHost x, int made, long by, long due) {

@@ -37,7 +37,8 @@ public final class ModulesTest {
     }
 
     private static void theFirstBytes() {
-        Kit.sentence("First the bytes 0 97 115 109 1 0 0 0 (fault 1 at the first one that is another, or is not there).");
+        Kit.sentence("First the bytes 0 97 115 109 1 0 0 0 (fault 1 at the first one that is another, or is not "
+                + "there).");
         Kit.valid("a module of nothing", MAGIC);
         for (int k = 0; k < 8; k++) {
             byte[] other = MAGIC.clone();
@@ -96,14 +97,16 @@ public final class ModulesTest {
         for (int kind = 0; kind <= 11; kind++) {
             Kit.faults("section " + kind + ", one byte less", Kit.module(kind, 3, 255, 255), 2, 12);
             Kit.faults("section " + kind + ", none of its bytes", Kit.module(kind, 1), 2, 10);
-            Kit.faults("section " + kind + " of 2 to the power of 31", Kit.module(kind, Kit.count(0x80000000L), 255), 2, 15);
-            Kit.faults("section " + kind + " of 2 to the power of 32, less 1", Kit.module(kind, Kit.count(0xFFFFFFFFL), 255),
-                    2, 15);
+            Kit.faults("section " + kind + " of 2 to the power of 31", Kit.module(kind, Kit.count(0x80000000L), 255), 2,
+                    15);
+            Kit.faults("section " + kind + " of 2 to the power of 32, less 1", Kit.module(kind, Kit.count(0xFFFFFFFFL),
+                    255), 2, 15);
         }
     }
 
     private static void whatIsLeftOver() {
-        Kit.sentence("What is in a section ends just where the section ends, else fault 7 at the first byte that is left over.");
+        Kit.sentence("What is in a section ends just where the section ends, else fault 7 at the first byte that is "
+                + "left over.");
         for (int kind = 1; kind <= 11; kind++) {
             Kit.faults("section " + kind + ", one byte", Kit.module(kind, 2, 0, 0), 7, 11);
             Kit.faults("section " + kind + ", three bytes", Kit.module(kind, 4, 0, 255, 255, 255, 12), 7, 11);
@@ -120,8 +123,8 @@ public final class ModulesTest {
         }
         Kit.valid("every byte", Kit.module(Kit.section(0, Kit.text("a"), all)));
         Kit.valid("none", Kit.module(Kit.section(0, Kit.text(""))));
-        Kit.valid("many, anywhere", Kit.module(least(0), least(0), least(1), Kit.section(0, 0, 255), least(11), least(0),
-                least(0)));
+        Kit.valid("many, anywhere", Kit.module(least(0), least(0), least(1), Kit.section(0, 0, 255), least(11),
+                least(0), least(0)));
         Kit.faults("no name", Kit.module(0, 0), 2, 10);
         StackHost x = new StackHost();
         Kit.load(x, Kit.module(Kit.section(0, 0, Kit.sectionOf(1, VOID_TYPE))));
@@ -153,8 +156,8 @@ public final class ModulesTest {
     }
 
     private static void valueTypes() {
-        Kit.sentence("A value type is a byte: 127 I, a number of 32 bits; 126 L, of 64 bits; 125 F, a floating one of 32 bits; "
-                + "124 D, of 64 bits.");
+        Kit.sentence("A value type is a byte: 127 I, a number of 32 bits; 126 L, of 64 bits; 125 F, a floating one "
+                + "of 32 bits; 124 D, of 64 bits.");
         stands("a parameter", Kit.bytes(1, 1, 96, 1), ModulesTest::isType, 0);
         stands("a second parameter", Kit.bytes(1, 1, 96, 2, 127), ModulesTest::isType, 0);
         stands("a result", Kit.bytes(1, 1, 96, 0, 1), ModulesTest::isType);
@@ -169,8 +172,8 @@ public final class ModulesTest {
     }
 
     private static void importKinds() {
-        Kit.sentence("and 0 and a count, the number of a function type; or 1 and a TABLE TYPE; or 2 and LIMITS, of a memory; "
-                + "or 3 and a VARIABLE TYPE.");
+        Kit.sentence("and 0 and a count, the number of a function type; or 1 and a TABLE TYPE; or 2 and LIMITS, of a "
+                + "memory; or 3 and a VARIABLE TYPE.");
         Kit.valid("a function", Kit.module(Kit.sectionOf(1, VOID_TYPE), 2, 5, 1, 0, 0, 0, 0));
         Kit.valid("a table", Kit.module(2, 7, 1, 0, 0, 1, 112, 0, 0));
         Kit.valid("a memory", Kit.module(2, 6, 1, 0, 0, 2, 0, 0));
@@ -218,13 +221,12 @@ public final class ModulesTest {
     }
 
     private static void ownThings() {
-        Kit.sentence("3: a row of counts, the numbers of function types. 4: a row of table types. 5: a row of limits, of "
-                + "memories. 6: a row of variable types, each with an EXPRESSION.");
+        Kit.sentence("3: a row of counts, the numbers of function types. 4: a row of table types. 5: a row of "
+                + "limits, of memories. 6: a row of variable types, each with an EXPRESSION.");
         StackHost x = new StackHost();
         Kit.load(x, Kit.module(Kit.sectionOf(1, VOID_TYPE, Kit.type(Kit.of(127))), Kit.section(3, 3, 1, 0, 1),
-                Kit.section(4, 1, 112, 0, 2), Kit.section(5, 1, 0, 1),
-                Kit.section(6, 2, 127, 0, Kit.i32(5), 11, 126, 1, Kit.i64(6), 11), Kit.sectionOf(10, Kit.body(), Kit.body(),
-                        Kit.body())));
+                Kit.section(4, 1, 112, 0, 2), Kit.section(5, 1, 0, 1), Kit.section(6, 2, 127, 0, Kit.i32(5), 11, 126, 1,
+                Kit.i64(6), 11), Kit.sectionOf(10, Kit.body(), Kit.body(), Kit.body())));
         Kit.same("fault(0)", x.fault(0), 0);
         Kit.same("functions", x.module(0, 2), 3);
         Kit.same("tables", x.module(0, 3), 1);
@@ -233,7 +235,8 @@ public final class ModulesTest {
     }
 
     private static void exports() {
-        Kit.sentence("7: a row of EXPORTS: a name, a byte 0 .. 3 (function, table, memory, variable), a count, its number.");
+        Kit.sentence("7: a row of EXPORTS: a name, a byte 0 .. 3 (function, table, memory, variable), a count, its "
+                + "number.");
         byte[] all = Kit.module(Kit.sectionOf(1, VOID_TYPE), Kit.section(3, 1, 0), Kit.section(4, 1, 112, 0, 0),
                 Kit.section(5, 1, 0, 0), Kit.section(6, 1, 127, 0, Kit.i32(0), 11));
         for (int kind = 0; kind < 256; kind++) {
@@ -260,8 +263,8 @@ public final class ModulesTest {
     }
 
     private static void bodiesThatAreNotThere() {
-        Kit.sentence("10: a row of BODIES: a count, its size, and as many bytes (which must be there before anything in them is "
-                + "read, else fault 2 at the section's end)");
+        Kit.sentence("10: a row of BODIES: a count, its size, and as many bytes (which must be there before anything "
+                + "in them is read, else fault 2 at the section's end)");
         // The section's first byte is at place 10, the size of its body at 11.
         for (byte[] size : new byte[][] {Kit.bytes(4), Kit.count(0x80000000L), Kit.count(0xFFFFFFFFL)}) {
             byte[] section = Kit.section(10, 1, size, 255, 255, 255);
@@ -295,8 +298,10 @@ public final class ModulesTest {
         int made = Kit.instance(x, Kit.join(memory, Kit.section(11, 2, 0, 0x41, 2, 11, 2, 255, 12, 0, 0x41, 9, 11, 0)));
         Kit.same("a byte", x.peek(made, 2), 255);
         Kit.same("a byte", x.peek(made, 3), 12);
-        Kit.faults("a row that is cut", Kit.join(memory, Kit.section(11, 1, 0, 0x41, 0, 11, 2, 9)), 2, memory.length + 9);
-        Kit.faults("a row of too few", Kit.join(memory, Kit.section(11, 1, 0, 0x41, 0, 11, 1, 9, 8)), 7, memory.length + 9);
+        Kit.faults("a row that is cut", Kit.join(memory, Kit.section(11, 1, 0, 0x41, 0, 11, 2, 9)), 2,
+                memory.length + 9);
+        Kit.faults("a row of too few", Kit.join(memory, Kit.section(11, 1, 0, 0x41, 0, 11, 1, 9, 8)), 7,
+                memory.length + 9);
     }
 
     private static void bytesThatCannotStand() {
@@ -319,13 +324,15 @@ public final class ModulesTest {
     }
 
     private static void manyLocals() {
-        Kit.sentence("In a body fault 9 is at the count with which it has more than 1000 locals, parameters not counted");
+        Kit.sentence("In a body fault 9 is at the count with which it has more than 1000 locals, parameters not "
+                + "counted");
         Kit.valid("1000", withBody(1, Kit.count(1000), 127, 11));
         Kit.faults("1001", withBody(1, Kit.count(1001), 127, 11), 9, 23);
         Kit.valid("999 and 1", withBody(2, Kit.count(999), 127, 1, 126, 11));
         Kit.faults("1000 and 1", withBody(2, Kit.count(1000), 127, 1, 126, 11), 9, 26);
         Kit.faults("1 and 1000", withBody(2, 1, 127, Kit.count(1000), 126, 11), 9, 25);
-        Kit.faults("400 three times", withBody(3, Kit.count(400), 127, Kit.count(400), 126, Kit.count(400), 125, 11), 9, 29);
+        Kit.faults("400 three times", withBody(3, Kit.count(400), 127, Kit.count(400), 126, Kit.count(400), 125, 11), 9,
+                29);
         Kit.valid("1000 and 0", withBody(2, Kit.count(1000), 127, 0, 126, 11));
         Kit.valid("0 and 1000", withBody(2, 0, 127, Kit.count(1000), 126, 11));
         Kit.faults("2 to the power of 31", withBody(1, Kit.count(0x80000000L), 127, 11), 9, 23);
@@ -374,7 +381,8 @@ public final class ModulesTest {
         Kit.faults("in 0x02 behind 0x05", withBody(0, 0x41, 0, 4, 64, 5, 2, 64, 5, 11, 11, 11), 5, 30);
         Kit.valid("behind 0x02 in 0x04", withBody(0, 0x41, 0, 4, 64, 2, 64, 11, 5, 11, 11));
         Kit.valid("in 0x04 behind 0x05 of 0x04", withBody(0, 0x41, 0, 4, 64, 5, 0x41, 0, 4, 64, 5, 11, 11, 11));
-        Kit.faults("again behind an inner one", withBody(0, 0x41, 0, 4, 64, 5, 0x41, 0, 4, 64, 5, 11, 5, 11, 11), 5, 34);
+        Kit.faults("again behind an inner one", withBody(0, 0x41, 0, 4, 64, 5, 0x41, 0, 4, 64, 5, 11, 5, 11, 11), 5,
+                34);
         Kit.faults("in section 6", Kit.module(6, 5, 1, 127, 0, 5, 11), 5, 13);
     }
 
@@ -417,7 +425,8 @@ public final class ModulesTest {
     }
 
     private static void asManyBodies() {
-        Kit.sentence("At the tape's end there must be as many bodies as section 3 has functions: else fault 8 at the tape's end.");
+        Kit.sentence("At the tape's end there must be as many bodies as section 3 has functions: else fault 8 at the "
+                + "tape's end.");
         byte[] types = Kit.sectionOf(1, VOID_TYPE);
         byte[] imports = Kit.section(2, 1, 0, 0, 0, 0);
         byte[] function = Kit.bytes(3, 2, 1, 0);

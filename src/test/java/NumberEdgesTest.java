@@ -8,7 +8,8 @@ public final class NumberEdgesTest {
     private static final long MINUS_I = MASK;
     private static final long NAN_F = 0x7FC00000L;
     private static final long NAN_D = 0x7FF8000000000000L;
-    private static final long[] NANS_F = {0x7F800001L, 0x7FC00000L, 0x7FC00001L, 0x7FFFFFFFL, 0xFF800001L, 0xFFC00000L, MASK};
+    private static final long[] NANS_F = {0x7F800001L, 0x7FC00000L, 0x7FC00001L, 0x7FFFFFFFL, 0xFF800001L, 0xFFC00000L,
+            MASK};
     private static final long[] NANS_D = {0x7FF0000000000001L, 0x7FF8000000000000L, 0x7FF8000000000001L, MOST_L,
         0xFFF0000000000001L, 0xFFF8000000000000L, -1L};
     private static final long TRAP = Calculator.TRAP;
@@ -110,8 +111,8 @@ public final class NumberEdgesTest {
     }
 
     private static void nansThatAreMade() {
-        Kit.sentence("Each NaN that an instruction of 0x8D .. 0x98, 0x9B .. 0xA6, 0xB6 and 0xBB makes (all but abs, neg and copysign, "
-                + "which change the sign bit alone) is 0x7FC00000, or 0x7FF8000000000000.");
+        Kit.sentence("Each NaN that an instruction of 0x8D .. 0x98, 0x9B .. 0xA6, 0xB6 and 0xBB makes (all but abs, "
+                + "neg and copysign, which change the sign bit alone) is 0x7FC00000, or 0x7FF8000000000000.");
         for (long nan : NANS_F) {
             for (int op = 0x8D; op <= 0x91; op++) {
                 is(op, NAN_F, nan);
@@ -135,8 +136,8 @@ public final class NumberEdgesTest {
             is(0xB6, NAN_F, nan);
         }
         double many = Double.POSITIVE_INFINITY;
-        double[][] none = {{many, -many, 0}, {many, many, 1}, {many, 0, 2}, {-0.0, -many, 2}, {0, 0, 3}, {-0.0, 0, 3}, {many, many, 3},
-            {many, -many, 3}};
+        double[][] none = {{many, -many, 0}, {many, many, 1}, {many, 0, 2}, {-0.0, -many, 2}, {0, 0, 3}, {-0.0, 0, 3},
+                {many, many, 3}, {many, -many, 3}};
         for (double[] row : none) {
             is(0x92 + (int) row[2], NAN_F, f(row[0]), f(row[1]));
             is(0xA0 + (int) row[2], NAN_D, d(row[0]), d(row[1]));
@@ -145,7 +146,8 @@ public final class NumberEdgesTest {
 
     private static void signsAlone() {
         Kit.sentence("(all but abs, neg and copysign, which change the sign bit alone)");
-        for (long number : new long[] {0x7F800001L, 0xFF800001L, 0xFFFFFFFFL, 0x7FC00000L, 0, 0x80000000L, 0x3F800000L, 0xBF800000L}) {
+        for (long number : new long[] {0x7F800001L, 0xFF800001L, 0xFFFFFFFFL, 0x7FC00000L, 0, 0x80000000L, 0x3F800000L,
+                0xBF800000L}) {
             is(0x8B, number & MOST_I, number);
             is(0x8C, number ^ LEAST_I, number);
             is(0x98, number & MOST_I, number, f(2));
@@ -261,7 +263,8 @@ public final class NumberEdgesTest {
 
     private static void quotients() {
         Kit.sentence("/ s, / u, remainder s, remainder u (of / that rounds to 0; with the sign of a)");
-        long[][] rows = {{7, 2, 3, 1}, {-7, 2, -3, -1}, {7, -2, -3, 1}, {-7, -2, 3, -1}, {1, 2, 0, 1}, {-1, 2, 0, -1}, {0, 5, 0, 0}};
+        long[][] rows = {{7, 2, 3, 1}, {-7, 2, -3, -1}, {7, -2, -3, 1}, {-7, -2, 3, -1}, {1, 2, 0, 1}, {-1, 2, 0, -1},
+                {0, 5, 0, 0}};
         for (long[] row : rows) {
             is(0x6D, row[2] & MASK, row[0] & MASK, row[1] & MASK);
             is(0x6F, row[3] & MASK, row[0] & MASK, row[1] & MASK);
@@ -343,17 +346,18 @@ public final class NumberEdgesTest {
     }
 
     private static void wholeNumbers() {
-        Kit.sentence("the whole number not below, not above, toward 0, nearest (of two the even one), each of these four with the sign "
-                + "that was there, also of a 0 (-0.5 upward is -0)");
+        Kit.sentence("the whole number not below, not above, toward 0, nearest (of two the even one), each of these "
+                + "four with the sign that was there, also of a 0 (-0.5 upward is -0)");
         double most = Double.POSITIVE_INFINITY;
-        double[][] rows = {{0, 0, 0, 0, 0}, {-0.0, -0.0, -0.0, -0.0, -0.0}, {0.5, 1, 0, 0, 0}, {-0.5, -0.0, -1, -0.0, -0.0},
-            {1.5, 2, 1, 1, 2}, {-1.5, -1, -2, -1, -2}, {2.5, 3, 2, 2, 2}, {-2.5, -2, -3, -2, -2}, {0.75, 1, 0, 0, 1},
-            {-0.75, -0.0, -1, -0.0, -1}, {0.25, 1, 0, 0, 0}, {-0.25, -0.0, -1, -0.0, -0.0}, {3, 3, 3, 3, 3}, {-3, -3, -3, -3, -3},
-            {most, most, most, most, most}, {-most, -most, -most, -most, -most}, {1.25, 2, 1, 1, 1}, {1.75, 2, 1, 1, 2},
-            {4194303.5, 4194304, 4194303, 4194303, 4194304}, {8388607.5, 8388608, 8388607, 8388607, 8388608},
-            {8388606.5, 8388607, 8388606, 8388606, 8388606}, {8388609, 8388609, 8388609, 8388609, 8388609},
-            {16777216, 16777216, 16777216, 16777216, 16777216}, {Float.MIN_VALUE, 1, 0, 0, 0},
-            {-Float.MIN_VALUE, -0.0, -1, -0.0, -0.0}};
+        double[][] rows = {{0, 0, 0, 0, 0}, {-0.0, -0.0, -0.0, -0.0, -0.0}, {0.5, 1, 0, 0, 0},
+                {-0.5, -0.0, -1, -0.0, -0.0}, {1.5, 2, 1, 1, 2}, {-1.5, -1, -2, -1, -2}, {2.5, 3, 2, 2, 2},
+                {-2.5, -2, -3, -2, -2}, {0.75, 1, 0, 0, 1}, {-0.75, -0.0, -1, -0.0, -1}, {0.25, 1, 0, 0, 0},
+                {-0.25, -0.0, -1, -0.0, -0.0}, {3, 3, 3, 3, 3}, {-3, -3, -3, -3, -3}, {most, most, most, most, most},
+                {-most, -most, -most, -most, -most}, {1.25, 2, 1, 1, 1}, {1.75, 2, 1, 1, 2},
+                {4194303.5, 4194304, 4194303, 4194303, 4194304}, {8388607.5, 8388608, 8388607, 8388607, 8388608},
+                {8388606.5, 8388607, 8388606, 8388606, 8388606}, {8388609, 8388609, 8388609, 8388609, 8388609},
+                {16777216, 16777216, 16777216, 16777216, 16777216}, {Float.MIN_VALUE, 1, 0, 0, 0},
+                {-Float.MIN_VALUE, -0.0, -1, -0.0, -0.0}};
         for (double[] row : rows) {
             for (int k = 0; k < 4; k++) {
                 both(0x8D + k, row[k + 1], row[0]);
@@ -384,7 +388,8 @@ public final class NumberEdgesTest {
     }
 
     private static void lesserAndGreater() {
-        Kit.sentence("the lesser (of 0 and -0 -0), the greater (0), a with the sign of b; the lesser and greater with a NaN are a NaN");
+        Kit.sentence("the lesser (of 0 and -0 -0), the greater (0), a with the sign of b; the lesser and greater "
+                + "with a NaN are a NaN");
         both(0x96, -0.0, 0, -0.0);
         both(0x96, -0.0, -0.0, 0);
         both(0x96, -0.0, -0.0, -0.0);
@@ -431,7 +436,8 @@ public final class NumberEdgesTest {
     }
 
     private static void towardZero() {
-        Kit.sentence("To the whole number toward 0: 0xA8, 0xA9: F to I, s, u; 0xAA, 0xAB: D to I; 0xAE, 0xAF: F to L; 0xB0, 0xB1: D to L");
+        Kit.sentence("To the whole number toward 0: 0xA8, 0xA9: F to I, s, u; 0xAA, 0xAB: D to I; 0xAE, 0xAF: F to "
+                + "L; 0xB0, 0xB1: D to L");
         int[] all = {0xA8, 0xA9, 0xAA, 0xAB, 0xAE, 0xAF, 0xB0, 0xB1};
         for (int op : all) {
             truncates(op, 0, 0);

@@ -1,3 +1,5 @@
+import java.util.Arrays;
+
 /** The promises 1 to 27, sentence by sentence. */
 public final class PromisesTest {
     private static final int I = Kit.I;
@@ -110,7 +112,8 @@ public final class PromisesTest {
         }
         // A name of twenty bytes: they come in the order in which they were fed.
         StackHost y = new StackHost();
-        int made = Kit.instance(y, Kit.module(5, 3, 1, 0, 0, Kit.sectionOf(7, Kit.export("abcdefghijklmnopqrst", 2, 0))));
+        int made = Kit.instance(y, Kit.module(5, 3, 1, 0, 0, Kit.sectionOf(7, Kit.export("abcdefghijklmnopqrst", 2,
+                0))));
         y.feed(0x61626364, 0x65666768, 0x696A6B6C, 0x6D6E6F70, 0x71727374);
         Kit.same("find", y.find(made), 0);
     }
@@ -204,8 +207,8 @@ public final class PromisesTest {
     }
 
     private static void faults() {
-        Kit.sentence("Of the latest load() or instantiate(): what = 0 the code of its fault, 1 the fault's place; 0 and 0 if it had none, "
-                + "or there was none.");
+        Kit.sentence("Of the latest load() or instantiate(): what = 0 the code of its fault, 1 the fault's place; 0 "
+                + "and 0 if it had none, or there was none.");
         StackHost x = new StackHost();
         Kit.same("fault(0) when there was none", x.fault(0), 0);
         Kit.same("fault(1) when there was none", x.fault(1), 0);
@@ -249,20 +252,17 @@ public final class PromisesTest {
     }
 
     private static void modules() {
-        Kit.sentence("How many of something a module has (0 function types, 1 imports, 2 functions, 3 tables, 4 memories, 5 variables, with "
-                + "those imported, 6 exports, 7 rows of elements, 8 rows of data).");
+        Kit.sentence("How many of something a module has (0 function types, 1 imports, 2 functions, 3 tables, 4 "
+                + "memories, 5 variables, with those imported, 6 exports, 7 rows of elements, 8 rows of data).");
         StackHost x = new StackHost();
-        Kit.load(x, Kit.module(
-                Kit.sectionOf(1, VOID_TYPE, Kit.type(Kit.of(I), I)),
-                Kit.sectionOf(2, imported("", "", 0, 0), imported("", "", 0, 1), imported("", "", 2, 0, 0), imported("", "", 3, I, 0),
-                        imported("", "", 3, L, 1)),
-                Kit.section(3, 3, 0, 1, 0),
-                Kit.section(4, 1, 112, 0, 5),
-                Kit.section(6, 1, I, 1, Kit.i32(3), 11),
+        Kit.load(x, Kit.module( Kit.sectionOf(1, VOID_TYPE, Kit.type(Kit.of(I), I)),
+                Kit.sectionOf(2, imported("", "", 0, 0), imported("", "", 0, 1), imported("", "", 2, 0, 0),
+                imported("", "", 3, I, 0), imported("", "", 3, L, 1)), Kit.section(3, 3, 0, 1, 0),
+                Kit.section(4, 1, 112, 0, 5), Kit.section(6, 1, I, 1, Kit.i32(3), 11),
                 Kit.section(7, 2, Kit.export("a", 0, 4), Kit.export("b", 3, 2)),
                 Kit.section(9, 4, Kit.bytes(0, 0x41, 0, 11, 1, 0), Kit.bytes(0, 0x41, 0, 11, 0),
-                        Kit.bytes(0, 0x41, 0, 11, 0), Kit.bytes(0, 0x41, 0, 11, 0)),
-                Kit.section(10, 3, Kit.body(), Kit.body(Kit.i32(1), Kit.i32(1), 0x6A), Kit.body(Kit.i32(0), DROP)),
+                Kit.bytes(0, 0x41, 0, 11, 0), Kit.bytes(0, 0x41, 0, 11, 0)), Kit.section(10, 3, Kit.body(),
+                Kit.body(Kit.i32(1), Kit.i32(1), 0x6A), Kit.body(Kit.i32(0), DROP)),
                 Kit.section(11, 2, Kit.bytes(0, 0x41, 0, 11, 0), Kit.bytes(0, 0x41, 0, 11, 1, 9))));
         Kit.same("fault(0)", x.fault(0), 0);
         int[] due = {2, 5, 5, 1, 1, 3, 2, 4, 2};
@@ -288,8 +288,9 @@ public final class PromisesTest {
         Kit.sentence("The ROOM of body b of a module. IndexOutOfBoundsException: also when there is no such body.");
         StackHost x = new StackHost();
         // An imported function has no body: body 0 is the first of its own.
-        Kit.load(x, Kit.module(Kit.sectionOf(1, VOID_TYPE), Kit.sectionOf(2, imported("", "", 0, 0)), Kit.section(3, 3, 0, 0, 0),
-                Kit.section(10, 3, Kit.body(), Kit.body(Kit.i32(1), Kit.i32(1), DROP, DROP), Kit.body(Kit.i32(0), DROP))));
+        Kit.load(x, Kit.module(Kit.sectionOf(1, VOID_TYPE), Kit.sectionOf(2, imported("", "", 0, 0)),
+                Kit.section(3, 3, 0, 0, 0), Kit.section(10, 3, Kit.body(), Kit.body(Kit.i32(1), Kit.i32(1), DROP, DROP),
+                Kit.body(Kit.i32(0), DROP))));
         int[] due = {0, 2, 1};
         for (int b = 0; b < 3; b++) {
             Kit.same("room(0, " + b + ")", x.room(0, b), due[b]);
@@ -369,8 +370,8 @@ public final class PromisesTest {
     private static void finding() {
         Kit.sentence("The number of the export of an instance whose name is the tape (which is empty then); NONE.");
         StackHost x = new StackHost();
-        int made = Kit.instance(x, Kit.module(5, 3, 1, 0, 0, Kit.sectionOf(7, Kit.export("", 2, 0), Kit.export("ab", 2, 0),
-                Kit.export("a", 2, 0), Kit.export("b\u00c3\u00a4", 2, 0))));
+        int made = Kit.instance(x, Kit.module(5, 3, 1, 0, 0, Kit.sectionOf(7, Kit.export("", 2, 0),
+                Kit.export("ab", 2, 0), Kit.export("a", 2, 0), Kit.export("b\u00c3\u00a4", 2, 0))));
         Kit.same("the empty one", x.find(made), 0);
         Kit.same("ab", Kit.find(x, made, "ab"), 1);
         Kit.same("a", Kit.find(x, made, "a"), 2);
@@ -390,14 +391,14 @@ public final class PromisesTest {
     }
 
     private static void exported() {
-        Kit.sentence("Of export k of an instance: what = 0 its kind, 1 its number in that instance (imported ones first, also of what it has "
-                + "imported); of a function 2 how many parameters, 3 how many results; of others 0.");
+        Kit.sentence("Of export k of an instance: what = 0 its kind, 1 its number in that instance (imported ones "
+                + "first, also of what it has imported); of a function 2 how many parameters, 3 how many results; of "
+                + "others 0.");
         StackHost x = new StackHost();
         int made = Kit.instance(x, Kit.module(Kit.sectionOf(1, Kit.type(Kit.of(I)), Kit.type(Kit.of(I, L, F), D)),
                 Kit.sectionOf(2, imported("host", "i", 0, 0)), 3, 2, 1, 1, 4, 4, 1, 112, 0, 0, 5, 3, 1, 0, 0,
-                Kit.section(6, 2, I, 0, Kit.i32(1), 11, I, 0, Kit.i32(1), 11),
-                Kit.sectionOf(7, Kit.export("a", 0, 1), Kit.export("b", 1, 0), Kit.export("c", 2, 0), Kit.export("d", 3, 1),
-                        Kit.export("e", 0, 0)),
+                Kit.section(6, 2, I, 0, Kit.i32(1), 11, I, 0, Kit.i32(1), 11), Kit.sectionOf(7, Kit.export("a", 0, 1),
+                Kit.export("b", 1, 0), Kit.export("c", 2, 0), Kit.export("d", 3, 1), Kit.export("e", 0, 0)),
                 Kit.sectionOf(10, Kit.body(Kit.f64(1)))));
         int[][] due = {{0, 1, 3, 1}, {1, 0, 0, 0}, {2, 0, 0, 0}, {3, 1, 0, 0}, {0, 0, 1, 0}};
         for (int k = 0; k < due.length; k++) {
@@ -434,7 +435,7 @@ public final class PromisesTest {
         Kit.illegalState("push of the 1001st", () -> x.push(0));
         Kit.illegalState("push of the 1001st again", () -> x.push(0));
         int[] thousand = new int[1000];
-        java.util.Arrays.fill(thousand, I);
+        Arrays.fill(thousand, I);
         byte[] code = Kit.join(0x20, Kit.count(999), 0x20, 0, 0x6B);
         int made = Kit.instance(x, Kit.single(Kit.type(thousand, I), Kit.body(code)));
         x.invoke(made, 0);
@@ -446,13 +447,13 @@ public final class PromisesTest {
 
     private static byte[] fourTypes() {
         return Kit.module(Kit.sectionOf(1, Kit.type(Kit.of(I, L, F, D), L)), 3, 2, 1, 0, 5, 3, 1, 0, 0,
-                Kit.sectionOf(7, Kit.export("f", 0, 0), Kit.export("m", 2, 0)),
-                Kit.sectionOf(10, Kit.body(0x20, 0, 0xAD, 0x20, 1, 0x7C, 0x20, 2, 0xBC, 0xAD, 0x7C, 0x20, 3, 0xBD, 0x7C)));
+                Kit.sectionOf(7, Kit.export("f", 0, 0), Kit.export("m", 2, 0)), Kit.sectionOf(10,
+                Kit.body(0x20, 0, 0xAD, 0x20, 1, 0x7C, 0x20, 2, 0xBC, 0xAD, 0x7C, 0x20, 3, 0xBD, 0x7C)));
     }
 
     private static void invoking() {
-        Kit.sentence("Export k of an instance, a function, is invoked with the arguments (of I and F their lowest 32 bits), which are gone "
-                + "then.");
+        Kit.sentence("Export k of an instance, a function, is invoked with the arguments (of I and F their lowest 32 "
+                + "bits), which are gone then.");
         StackHost x = new StackHost();
         int made = Kit.instance(x, fourTypes());
         long[] given = {-1, 1, -1, -1};
@@ -464,10 +465,11 @@ public final class PromisesTest {
         Kit.same("run", x.run(100), 0);
         Kit.same("the lowest 32 bits of I and F, all of L and D", x.result(), 0xFFFFFFFFL + 1 + 0xFFFFFFFFL - 1);
         StackHost y = new StackHost();
-        int echo = Kit.instance(y, Kit.module(Kit.sectionOf(1, Kit.type(Kit.of(I), I), Kit.type(Kit.of(L), L), Kit.type(Kit.of(F), F),
-                Kit.type(Kit.of(D), D)), Kit.section(3, 4, 0, 1, 2, 3),
-                Kit.sectionOf(7, Kit.export("i", 0, 0), Kit.export("l", 0, 1), Kit.export("f", 0, 2), Kit.export("d", 0, 3)),
-                Kit.sectionOf(10, Kit.body(0x20, 0), Kit.body(0x20, 0), Kit.body(0x20, 0), Kit.body(0x20, 0))));
+        int echo = Kit.instance(y, Kit.module(Kit.sectionOf(1, Kit.type(Kit.of(I), I), Kit.type(Kit.of(L), L),
+                Kit.type(Kit.of(F), F), Kit.type(Kit.of(D), D)), Kit.section(3, 4, 0, 1, 2, 3),
+                Kit.sectionOf(7, Kit.export("i", 0, 0), Kit.export("l", 0, 1), Kit.export("f", 0, 2),
+                Kit.export("d", 0, 3)), Kit.sectionOf(10, Kit.body(0x20, 0), Kit.body(0x20, 0), Kit.body(0x20, 0),
+                Kit.body(0x20, 0))));
         for (int k = 0; k < 4; k++) {
             for (long bits : new long[] {-1, Long.MIN_VALUE, 0x1234567880000000L, 0x7FF0000000000001L}) {
                 Kit.same("run", Kit.callOf(y, echo, k, bits), 0);
@@ -477,8 +479,9 @@ public final class PromisesTest {
     }
 
     private static void invokingWrongly() {
-        Kit.sentence("IndexOutOfBoundsException: also when there is no such export; IllegalArgumentException: it is no function, or has not as "
-                + "many parameters as there are arguments; IllegalStateException: a function is under way.");
+        Kit.sentence("IndexOutOfBoundsException: also when there is no such export; IllegalArgumentException: it is "
+                + "no function, or has not as many parameters as there are arguments; IllegalStateException: a "
+                + "function is under way.");
         StackHost x = new StackHost();
         int made = Kit.instance(x, fourTypes());
         Kit.outside("no such instance", () -> x.invoke(1, 0));
@@ -492,12 +495,12 @@ public final class PromisesTest {
         }
         x.push(0);
         Kit.illegalArgument("five arguments", () -> x.invoke(made, 0));
-        int[] kinds = {1, 2, 3};
-        for (int kind : kinds) {
+        for (int kind = 1; kind <= 3; kind++) {
             // As many arguments as the function of that number has parameters.
             StackHost w = new StackHost();
-            int all = Kit.instance(w, Kit.module(Kit.sectionOf(1, VOID_TYPE), 3, 2, 1, 0, Kit.section(4, 1, 112, 0, 0), Kit.section(5, 1, 0, 0),
-                    Kit.section(6, 1, I, 0, Kit.i32(0), 11), Kit.sectionOf(7, Kit.export("x", kind, 0)), Kit.sectionOf(10, Kit.body())));
+            int all = Kit.instance(w, Kit.module(Kit.sectionOf(1, VOID_TYPE), 3, 2, 1, 0, Kit.section(4, 1, 112, 0, 0),
+                    Kit.section(5, 1, 0, 0), Kit.section(6, 1, I, 0, Kit.i32(0), 11),
+                    Kit.sectionOf(7, Kit.export("x", kind, 0)), Kit.sectionOf(10, Kit.body())));
             Kit.illegalArgument("an export of kind " + kind, () -> w.invoke(all, 0));
             Kit.illegalState("nothing is under way", () -> w.run(1));
         }
@@ -520,7 +523,8 @@ public final class PromisesTest {
     }
 
     private static void running() {
-        Kit.sentence("Runs what is under way with so much fuel: 0 it has ended, 1 it has ended with a trap, 2 it is held.");
+        Kit.sentence("Runs what is under way with so much fuel: 0 it has ended, 1 it has ended with a trap, 2 it is "
+                + "held.");
         StackHost x = new StackHost();
         int adding = instanceOf(x, Kit.type(Kit.of(), I), Kit.i32(1), Kit.i32(2), 0x6A);
         for (int n = 0; n <= 5; n++) {
@@ -541,8 +545,8 @@ public final class PromisesTest {
         Kit.same("run(1000000)", x.run(1000000), 2);
         Kit.same("calls", x.calls(), 1);
         Kit.same("stop", x.stop(), 1);
-        int counting = Kit.instance(x, Kit.single(VOID_TYPE, Kit.bodyWith(1, I, 3, 64, 0x20, 0, Kit.i32(1), 0x6A, 0x22, 0,
-                Kit.i32(142857), 0x48, 0x0D, 0, 11)));
+        int counting = Kit.instance(x, Kit.single(VOID_TYPE, Kit.bodyWith(1, I, 3, 64, 0x20, 0, Kit.i32(1), 0x6A, 0x22,
+                0, Kit.i32(142857), 0x48, 0x0D, 0, 11)));
         // Seven steps a turn: 999999 in all.
         x.invoke(counting, 0);
         Kit.same("run(999998)", x.run(999998), 2);
@@ -552,7 +556,8 @@ public final class PromisesTest {
     }
 
     private static void runningWrongly() {
-        Kit.sentence("IllegalArgumentException: fuel is below 0, or above 1000000; IllegalStateException: nothing is under way.");
+        Kit.sentence("IllegalArgumentException: fuel is below 0, or above 1000000; IllegalStateException: nothing is "
+                + "under way.");
         StackHost x = new StackHost();
         int made = instanceOf(x, VOID_TYPE, 0);
         for (int fuel : new int[] {-1, 1000001, Integer.MIN_VALUE, Integer.MAX_VALUE}) {
@@ -575,7 +580,8 @@ public final class PromisesTest {
     }
 
     private static void stopping() {
-        Kit.sentence("What is under way is so no more: how many calls were open. (What ended last stays told by result() and trap().)");
+        Kit.sentence("What is under way is so no more: how many calls were open. (What ended last stays told by "
+                + "result() and trap().)");
         StackHost x = new StackHost();
         int made = Kit.instance(x, threeDeep());
         Kit.same("nothing under way", x.stop(), 0);
@@ -609,8 +615,9 @@ public final class PromisesTest {
     private static void calls() {
         Kit.sentence("How many calls are open.");
         StackHost x = new StackHost();
-        int made = Kit.instance(x, Kit.module(Kit.sectionOf(1, VOID_TYPE), 3, 3, 2, 0, 0, Kit.sectionOf(7, Kit.export("f", 0, 0)),
-                Kit.sectionOf(10, Kit.body(0x10, 1, 0x10, 1), Kit.body(Kit.i32(0), DROP))));
+        int made = Kit.instance(x, Kit.module(Kit.sectionOf(1, VOID_TYPE), 3, 3, 2, 0, 0,
+                Kit.sectionOf(7, Kit.export("f", 0, 0)), Kit.sectionOf(10, Kit.body(0x10, 1, 0x10, 1),
+                Kit.body(Kit.i32(0), DROP))));
         Kit.same("none", x.calls(), 0);
         x.invoke(made, 0);
         Kit.same("before a run", x.calls(), 0);
@@ -624,15 +631,16 @@ public final class PromisesTest {
     }
 
     private static void results() {
-        Kit.sentence("The result of what ended last without a trap (of I and F without a sign); 0 if it had none, or nothing did.");
+        Kit.sentence("The result of what ended last without a trap (of I and F without a sign); 0 if it had none, or "
+                + "nothing did.");
         StackHost x = new StackHost();
         Kit.same("nothing did", x.result(), 0);
-        int made = Kit.instance(x, Kit.module(Kit.sectionOf(1, Kit.type(Kit.of(), I), VOID_TYPE, Kit.type(Kit.of(), L), Kit.type(Kit.of(), F),
-                Kit.type(Kit.of(), D)), Kit.section(3, 6, 0, 1, 1, 2, 3, 4),
-                Kit.sectionOf(7, Kit.export("a", 0, 0), Kit.export("b", 0, 1), Kit.export("c", 0, 2), Kit.export("d", 0, 3),
-                        Kit.export("e", 0, 4), Kit.export("f", 0, 5)),
-                Kit.sectionOf(10, Kit.body(Kit.i32(-7)), Kit.body(), Kit.body(0), Kit.body(Kit.i64(-7)), Kit.body(Kit.f32(-1)),
-                        Kit.body(Kit.f64(-1)))));
+        int made = Kit.instance(x, Kit.module(Kit.sectionOf(1, Kit.type(Kit.of(), I), VOID_TYPE, Kit.type(Kit.of(), L),
+                Kit.type(Kit.of(), F), Kit.type(Kit.of(), D)), Kit.section(3, 6, 0, 1, 1, 2, 3, 4),
+                Kit.sectionOf(7, Kit.export("a", 0, 0), Kit.export("b", 0, 1), Kit.export("c", 0, 2),
+                Kit.export("d", 0, 3), Kit.export("e", 0, 4), Kit.export("f", 0, 5)),
+                Kit.sectionOf(10, Kit.body(Kit.i32(-7)), Kit.body(), Kit.body(0), Kit.body(Kit.i64(-7)),
+                Kit.body(Kit.f32(-1)), Kit.body(Kit.f64(-1)))));
         Kit.callOf(x, made, 2);
         Kit.same("nothing did without a trap", x.result(), 0);
         Kit.callOf(x, made, 0);
@@ -661,17 +669,19 @@ public final class PromisesTest {
     }
 
     private static void traps() {
-        Kit.sentence("Of what ended last with a trap: what = 0 its code, 1 the instance, 2 the function's number there (in the instance whose "
-                + "own it is, imported ones first), 3 the instruction's place on its module's tape");
+        Kit.sentence("Of what ended last with a trap: what = 0 its code, 1 the instance, 2 the function's number "
+                + "there (in the instance whose own it is, imported ones first), 3 the instruction's place on its "
+                + "module's tape");
         StackHost y = new StackHost();
-        byte[] inner = Kit.module(Kit.sectionOf(1, Kit.type(Kit.of(I), I)), 3, 3, 2, 0, 0, Kit.sectionOf(7, Kit.export("d", 0, 1)),
-                Kit.sectionOf(10, Kit.body(Kit.i32(1)), Kit.body(Kit.i32(100), 0x20, 0, 0x6D)));
+        byte[] inner = Kit.module(Kit.sectionOf(1, Kit.type(Kit.of(I), I)), 3, 3, 2, 0, 0,
+                Kit.sectionOf(7, Kit.export("d", 0, 1)), Kit.sectionOf(10, Kit.body(Kit.i32(1)),
+                Kit.body(Kit.i32(100), 0x20, 0, 0x6D)));
         Kit.instance(y, EMPTY);
         int second = Kit.instance(y, inner);
         Kit.name(y, second, "in");
-        byte[] outer = Kit.module(Kit.sectionOf(1, Kit.type(Kit.of(I), I)), Kit.sectionOf(2, imported("in", "d", 0, 0)), 3, 3, 2, 0, 0,
-                Kit.sectionOf(7, Kit.export("again", 0, 0), Kit.export("f", 0, 1), Kit.export("g", 0, 2)),
-                Kit.sectionOf(10, Kit.body(0x20, 0, 0x10, 0), Kit.body(1, 0)));
+        byte[] outer = Kit.module(Kit.sectionOf(1, Kit.type(Kit.of(I), I)), Kit.sectionOf(2, imported("in", "d", 0, 0)),
+                3, 3, 2, 0, 0, Kit.sectionOf(7, Kit.export("again", 0, 0), Kit.export("f", 0, 1),
+                Kit.export("g", 0, 2)), Kit.sectionOf(10, Kit.body(0x20, 0, 0x10, 0), Kit.body(1, 0)));
         int third = Kit.instance(y, outer);
         Kit.same("run", Kit.callOf(y, third, 1, 7), 0);
         Kit.same("100 / 7", y.result(), 14);
@@ -695,9 +705,9 @@ public final class PromisesTest {
         Kit.sentence("0, and NONE three times, if nothing did, or, for 1 to 3, if no call was open");
         StackHost x = new StackHost();
         trapIs("nothing did", x, 0, -1, -1, -1);
-        int made = Kit.instance(x, Kit.module(Kit.sectionOf(1, Kit.type(Kit.of(I))), Kit.sectionOf(2, imported("host", "i", 0, 0)), 3, 2, 1, 0,
-                Kit.sectionOf(7, Kit.export("i", 0, 0), Kit.export("f", 0, 1)),
-                Kit.sectionOf(10, Kit.body(3, 64, 0x20, 0, 0x10, 0, 0x0C, 0, 11, 0))));
+        int made = Kit.instance(x, Kit.module(Kit.sectionOf(1, Kit.type(Kit.of(I))),
+                Kit.sectionOf(2, imported("host", "i", 0, 0)), 3, 2, 1, 0, Kit.sectionOf(7, Kit.export("i", 0, 0),
+                Kit.export("f", 0, 1)), Kit.sectionOf(10, Kit.body(3, 64, 0x20, 0, 0x10, 0, 0x0C, 0, 11, 0))));
         Kit.callOf(x, made, 0, 1);
         trapIs("nothing did with a trap", x, 0, -1, -1, -1);
         Kit.same("run", Kit.callOf(x, made, 1, 1), 1);
@@ -723,7 +733,8 @@ public final class PromisesTest {
     }
 
     private static void peeking() {
-        Kit.sentence("A byte of the memory of an instance, 0 .. 255. IndexOutOfBoundsException: also when there is none.");
+        Kit.sentence("A byte of the memory of an instance, 0 .. 255. IndexOutOfBoundsException: also when there is "
+                + "none.");
         StackHost x = new StackHost();
         int none = Kit.instance(x, EMPTY);
         int empty = Kit.instance(x, Kit.module(5, 3, 1, 0, 0));
@@ -745,8 +756,8 @@ public final class PromisesTest {
     }
 
     private static void poking() {
-        Kit.sentence("A byte of the memory of an instance becomes another one (the lowest eight bits). IndexOutOfBoundsException: also when "
-                + "there is none.");
+        Kit.sentence("A byte of the memory of an instance becomes another one (the lowest eight bits). "
+                + "IndexOutOfBoundsException: also when there is none.");
         StackHost x = new StackHost();
         int none = Kit.instance(x, EMPTY);
         int empty = Kit.instance(x, Kit.module(5, 3, 1, 0, 0));
@@ -774,16 +785,18 @@ public final class PromisesTest {
     }
 
     private static void variables() {
-        Kit.sentence("Variable k of an instance, its bits (of I and F without a sign). IndexOutOfBoundsException: also when there is none.");
+        Kit.sentence("Variable k of an instance, its bits (of I and F without a sign). IndexOutOfBoundsException: "
+                + "also when there is none.");
         StackHost x = new StackHost();
-        int first = Kit.instance(x, Kit.module(Kit.section(6, 4, I, 1, Kit.i32(-5), 11, L, 0, Kit.i64(-9), 11, F, 0, Kit.f32(-1), 11, D, 0,
-                Kit.f64(-1), 11), Kit.sectionOf(7, Kit.export("v", 3, 2))));
+        int first = Kit.instance(x, Kit.module(Kit.section(6, 4, I, 1, Kit.i32(-5), 11, L, 0, Kit.i64(-9), 11, F, 0,
+                Kit.f32(-1), 11, D, 0, Kit.f64(-1), 11), Kit.sectionOf(7, Kit.export("v", 3, 2))));
         long[] due = {0xFFFFFFFBL, -9, 0xBF800000L, Double.doubleToRawLongBits(-1)};
         for (int k = 0; k < 4; k++) {
             Kit.same("variable(0, " + k + ")", x.variable(first, k), due[k]);
         }
         Kit.name(x, first, "a");
-        int second = Kit.instance(x, Kit.module(Kit.sectionOf(2, imported("a", "v", 3, F, 0)), Kit.section(6, 1, I, 0, Kit.i32(4), 11)));
+        int second = Kit.instance(x, Kit.module(Kit.sectionOf(2, imported("a", "v", 3, F, 0)),
+                Kit.section(6, 1, I, 0, Kit.i32(4), 11)));
         Kit.same("imported ones first", x.variable(second, 0), 0xBF800000L);
         Kit.same("then its own", x.variable(second, 1), 4);
         int none = Kit.instance(x, EMPTY);
@@ -802,18 +815,17 @@ public final class PromisesTest {
     }
 
     private static void elements() {
-        Kit.sentence("Element k of the table of an instance: 65536 times the instance, and the number there, of the function in it as its own "
-                + "module has it, or 65536 * 32767 and 0 .. 3 for the host's; NONE when nothing is in it. IndexOutOfBoundsException: also "
-                + "when there is none.");
+        Kit.sentence("Element k of the table of an instance: 65536 times the instance, and the number there, of the "
+                + "function in it as its own module has it, or 65536 * 32767 and 0 .. 3 for the host's; NONE when "
+                + "nothing is in it. IndexOutOfBoundsException: also when there is none.");
         StackHost x = new StackHost();
         int none = Kit.instance(x, EMPTY);
-        int made = Kit.instance(x, Kit.module(
-                Kit.sectionOf(1, Kit.type(Kit.of(I)), Kit.type(Kit.of(L)), Kit.type(Kit.of(F)), Kit.type(Kit.of(D))),
-                Kit.sectionOf(2, imported("host", "d", 0, 3), imported("host", "f", 0, 2), imported("host", "l", 0, 1),
-                        imported("host", "i", 0, 0)),
-                Kit.section(3, 2, 0, 1), Kit.section(4, 1, 112, 0, 8), Kit.sectionOf(7, Kit.export("t", 1, 0), Kit.export("f", 0, 5),
-                        Kit.export("h", 0, 0)),
-                Kit.section(9, 1, 0, Kit.i32(1), 11, 6, 0, 1, 2, 3, 4, 5), Kit.sectionOf(10, Kit.body(), Kit.body())));
+        int made = Kit.instance(x, Kit.module( Kit.sectionOf(1, Kit.type(Kit.of(I)), Kit.type(Kit.of(L)),
+                Kit.type(Kit.of(F)), Kit.type(Kit.of(D))), Kit.sectionOf(2, imported("host", "d", 0, 3),
+                imported("host", "f", 0, 2), imported("host", "l", 0, 1), imported("host", "i", 0, 0)),
+                Kit.section(3, 2, 0, 1), Kit.section(4, 1, 112, 0, 8), Kit.sectionOf(7, Kit.export("t", 1, 0),
+                Kit.export("f", 0, 5), Kit.export("h", 0, 0)), Kit.section(9, 1, 0, Kit.i32(1), 11, 6, 0, 1, 2, 3, 4,
+                5), Kit.sectionOf(10, Kit.body(), Kit.body())));
         int host = 65536 * 32767;
         int[] due = {-1, host + 3, host + 2, host + 1, host, 65536 + 4, 65536 + 5, -1};
         for (int k = 0; k < due.length; k++) {
@@ -837,8 +849,8 @@ public final class PromisesTest {
     }
 
     private static void wrongSteps() {
-        Kit.sentence("(As only valid modules are run, it is 0, whoever counts: one who keeps a type with every value counts them; who does not "
-                + "answers 0.)");
+        Kit.sentence("(As only valid modules are run, it is 0, whoever counts: one who keeps a type with every value "
+                + "counts them; who does not answers 0.)");
         StackHost x = new StackHost();
         Kit.same("a new object", x.wrong(), 0);
         int made = Kit.instance(x, threeDeep());
@@ -850,10 +862,10 @@ public final class PromisesTest {
     }
 
     private static byte[] putting() {
-        return Kit.module(Kit.sectionOf(1, Kit.type(Kit.of(I)), Kit.type(Kit.of(L)), Kit.type(Kit.of(F)), Kit.type(Kit.of(D))),
-                Kit.sectionOf(2, imported("host", "i", 0, 0), imported("host", "l", 0, 1), imported("host", "f", 0, 2),
-                        imported("host", "d", 0, 3)),
-                Kit.sectionOf(7, Kit.export("i", 0, 0), Kit.export("l", 0, 1), Kit.export("f", 0, 2), Kit.export("d", 0, 3)));
+        return Kit.module(Kit.sectionOf(1, Kit.type(Kit.of(I)), Kit.type(Kit.of(L)), Kit.type(Kit.of(F)),
+                Kit.type(Kit.of(D))), Kit.sectionOf(2, imported("host", "i", 0, 0), imported("host", "l", 0, 1),
+                imported("host", "f", 0, 2), imported("host", "d", 0, 3)), Kit.sectionOf(7, Kit.export("i", 0, 0),
+                Kit.export("l", 0, 1), Kit.export("f", 0, 2), Kit.export("d", 0, 3)));
     }
 
     private static void outs() {
@@ -868,7 +880,8 @@ public final class PromisesTest {
     }
 
     private static void out() {
-        Kit.sentence("Number k of OUT, its bits (of I and F without a sign). IndexOutOfBoundsException: there is none.");
+        Kit.sentence("Number k of OUT, its bits (of I and F without a sign). IndexOutOfBoundsException: there is "
+                + "none.");
         StackHost x = new StackHost();
         int made = Kit.instance(x, putting());
         Kit.outside("out(0)", () -> x.out(0));

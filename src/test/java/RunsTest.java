@@ -1,3 +1,5 @@
+import java.util.Arrays;
+
 /** Parts 6 and 7 of the terms, sentence by sentence: runs by fuel, and what calls that throw leave as it was. */
 public final class RunsTest {
     private static final int I = Kit.I;
@@ -36,7 +38,8 @@ public final class RunsTest {
     }
 
     private static void theFirstRunCalls() {
-        Kit.sentence("A function that is invoked, with arguments, is UNDER WAY; its first run calls it, with nothing open");
+        Kit.sentence("A function that is invoked, with arguments, is UNDER WAY; its first run calls it, with nothing "
+                + "open");
         StackHost x = new StackHost();
         int made = instanceOf(x, Kit.type(Kit.of(I), I), 0x20, 0);
         Kit.illegalState("nothing is under way", () -> x.run(1));
@@ -119,27 +122,30 @@ public final class RunsTest {
 
     private static void everyStep() {
         Kit.sentence("each instruction but 0x01, 0x02, 0x03, 0x05 and 0x0B is a STEP and needs one of fuel");
-        byte[] head = Kit.module(Kit.sectionOf(1, VOID_TYPE, Kit.type(Kit.of(I))), Kit.sectionOf(2, imported("host", "i", 0, 1)),
-                Kit.section(3, 2, 0, 0), Kit.section(4, 1, 112, 0, 1), Kit.section(5, 1, 0, 1),
-                Kit.section(6, 1, I, 1, Kit.i32(0), 11), Kit.sectionOf(7, Kit.export("f", 0, 1)),
-                Kit.section(9, 1, 0, Kit.i32(0), 11, 1, 2));
+        byte[] head = Kit.module(Kit.sectionOf(1, VOID_TYPE, Kit.type(Kit.of(I))),
+                Kit.sectionOf(2, imported("host", "i", 0, 1)), Kit.section(3, 2, 0, 0), Kit.section(4, 1, 112, 0, 1),
+                Kit.section(5, 1, 0, 1), Kit.section(6, 1, I, 1, Kit.i32(0), 11),
+                Kit.sectionOf(7, Kit.export("f", 0, 1)), Kit.section(9, 1, 0, Kit.i32(0), 11, 1, 2));
+        // How many steps, and the code.
         Object[][] codes = {
             {1, 0x0C, 0}, {1, 0x0F}, {2, Kit.i32(0), 0x0D, 0}, {2, Kit.i32(1), 0x0D, 0}, {2, Kit.i32(0), 0x0E, 0, 0},
             {2, Kit.i32(7), 0x0E, 2, 0, 0, 0}, {1, 0x10, 2}, {2, Kit.i32(0), 0x10, 0}, {2, Kit.i32(0), 0x11, 0, 0},
-            {2, Kit.i32(1), DROP}, {5, Kit.i32(1), Kit.i32(2), Kit.i32(3), 0x1B, DROP}, {2, 0x20, 0, DROP}, {2, Kit.i32(1), 0x21, 0},
-            {3, Kit.i32(1), 0x22, 0, DROP}, {2, 0x23, 0, DROP}, {2, Kit.i32(1), 0x24, 0}, {2, 0x3F, 0, DROP},
-            {3, Kit.i32(0), 0x40, 0, DROP}, {2, Kit.i32(1), DROP}, {2, Kit.i64(1), DROP}, {2, Kit.f32(1), DROP}, {2, Kit.f64(1), DROP},
+            {2, Kit.i32(1), DROP}, {5, Kit.i32(1), Kit.i32(2), Kit.i32(3), 0x1B, DROP}, {2, 0x20, 0, DROP},
+            {2, Kit.i32(1), 0x21, 0}, {3, Kit.i32(1), 0x22, 0, DROP}, {2, 0x23, 0, DROP}, {2, Kit.i32(1), 0x24, 0},
+            {2, 0x3F, 0, DROP}, {3, Kit.i32(0), 0x40, 0, DROP}, {2, Kit.i64(1), DROP}, {2, Kit.f32(1), DROP},
+            {2, Kit.f64(1), DROP},
             {2, 2, 64, Kit.i32(0), 0x0D, 0, 11}, {6, 3, 64, 0x23, 0, Kit.i32(1), 0x22, 0, 0x24, 0, 0x45, 0x0D, 1, 11}};
         for (int k = 0; k < codes.length; k++) {
-            Object[] code = java.util.Arrays.copyOfRange(codes[k], 1, codes[k].length);
+            Object[] code = Arrays.copyOfRange(codes[k], 1, codes[k].length);
             StackHost x = new StackHost();
             int made = Kit.instance(x, Kit.join(head, Kit.section(10, 2, Kit.bodyWith(1, I, code), Kit.body(1))));
             stepsAre("code " + k, x, made, (Integer) codes[k][0]);
         }
         for (int op = 0x28; op <= 0x3E; op++) {
-            byte[] value = new byte[][] {Kit.i32(0), Kit.i64(0), Kit.f32(0), Kit.f64(0), Kit.i32(0), Kit.i32(0), Kit.i64(0), Kit.i64(0),
-                Kit.i64(0)}[Math.max(0, op - 0x36)];
-            Object[] code = op < 0x36 ? new Object[] {Kit.i32(0), op, 0, 0, DROP} : new Object[] {Kit.i32(0), value, op, 0, 0};
+            byte[] value = new byte[][] {Kit.i32(0), Kit.i64(0), Kit.f32(0), Kit.f64(0), Kit.i32(0), Kit.i32(0),
+                    Kit.i64(0), Kit.i64(0), Kit.i64(0)}[Math.max(0, op - 0x36)];
+            Object[] code = op < 0x36 ? new Object[] {Kit.i32(0), op, 0, 0, DROP} : new Object[] {Kit.i32(0), value, op,
+                    0, 0};
             StackHost x = new StackHost();
             int made = Kit.instance(x, Kit.join(head, Kit.section(10, 2, Kit.body(code), Kit.body())));
             stepsAre("memory instruction " + op, x, made, 3);
@@ -166,8 +172,8 @@ public final class RunsTest {
         int made = Kit.instance(x, Kit.module(Kit.sectionOf(1, VOID_TYPE, Kit.type(Kit.of(I))),
                 Kit.sectionOf(2, imported("host", "i", 0, 1)), Kit.section(3, 2, 0, 0), Kit.section(5, 1, 0, 1),
                 Kit.section(6, 1, I, 1, Kit.i32(3), 11), Kit.sectionOf(7, Kit.export("f", 0, 1)),
-                Kit.sectionOf(10, Kit.body(Kit.i32(8), Kit.i32(9), 0x36, 0, 0, Kit.i32(4), 0x24, 0, Kit.i32(1), 0x40, 0, 0x10, 0, 0x10, 2),
-                        Kit.body(0))));
+                Kit.sectionOf(10, Kit.body(Kit.i32(8), Kit.i32(9), 0x36, 0, 0, Kit.i32(4), 0x24, 0, Kit.i32(1), 0x40, 0,
+                0x10, 0, 0x10, 2), Kit.body(0))));
         x.invoke(made, 0);
         Kit.same("up to the store", x.run(2), 2);
         Kit.same("nothing is stored", x.peek(made, 8), 0);
@@ -217,8 +223,9 @@ public final class RunsTest {
         x.invoke(tail, 0);
         Kit.same("what is free behind the last step", x.run(2), 0);
         // The ends of two calls are free; the last step is in the third.
-        int calling = Kit.instance(x, Kit.module(Kit.sectionOf(1, VOID_TYPE), 3, 4, 3, 0, 0, 0, Kit.sectionOf(7, Kit.export("f", 0, 0)),
-                Kit.sectionOf(10, Kit.body(0x10, 1, 1, 1), Kit.body(0x10, 2, 1), Kit.body(Kit.i32(0), DROP, 1))));
+        int calling = Kit.instance(x, Kit.module(Kit.sectionOf(1, VOID_TYPE), 3, 4, 3, 0, 0, 0,
+                Kit.sectionOf(7, Kit.export("f", 0, 0)), Kit.sectionOf(10, Kit.body(0x10, 1, 1, 1),
+                Kit.body(0x10, 2, 1), Kit.body(Kit.i32(0), DROP, 1))));
         x.invoke(calling, 0);
         Kit.same("run(2)", x.run(2), 2);
         Kit.same("calls", x.calls(), 3);
@@ -226,8 +233,8 @@ public final class RunsTest {
         Kit.same("calls", x.calls(), 3);
         Kit.same("run(1)", x.run(1), 0);
         // An end of a call is done before the run is held in the call below.
-        int below = Kit.instance(x, Kit.module(Kit.sectionOf(1, VOID_TYPE), 3, 3, 2, 0, 0, Kit.sectionOf(7, Kit.export("f", 0, 0)),
-                Kit.sectionOf(10, Kit.body(0x10, 1, 0x0F), Kit.body(1))));
+        int below = Kit.instance(x, Kit.module(Kit.sectionOf(1, VOID_TYPE), 3, 3, 2, 0, 0,
+                Kit.sectionOf(7, Kit.export("f", 0, 0)), Kit.sectionOf(10, Kit.body(0x10, 1, 0x0F), Kit.body(1))));
         x.invoke(below, 0);
         Kit.same("run(1)", x.run(1), 2);
         Kit.same("the call has ended", x.calls(), 1);
@@ -258,8 +265,9 @@ public final class RunsTest {
     private static void endsOfAllCalls() {
         Kit.sentence("It ends with the end of the first call");
         StackHost x = new StackHost();
-        int made = Kit.instance(x, Kit.module(Kit.sectionOf(1, Kit.type(Kit.of(), I)), 3, 3, 2, 0, 0, Kit.sectionOf(7, Kit.export("f", 0, 0)),
-                Kit.sectionOf(10, Kit.body(0x10, 1, Kit.i32(1), 0x6A), Kit.body(Kit.i32(5)))));
+        int made = Kit.instance(x, Kit.module(Kit.sectionOf(1, Kit.type(Kit.of(), I)), 3, 3, 2, 0, 0,
+                Kit.sectionOf(7, Kit.export("f", 0, 0)), Kit.sectionOf(10, Kit.body(0x10, 1, Kit.i32(1), 0x6A),
+                Kit.body(Kit.i32(5)))));
         x.invoke(made, 0);
         Kit.same("the end of the second call does not end it", x.run(2), 2);
         Kit.same("calls", x.calls(), 1);
@@ -274,7 +282,8 @@ public final class RunsTest {
         StackHost x = new StackHost();
         int made = Kit.instance(x, Kit.module(Kit.sectionOf(1, VOID_TYPE), 3, 4, 3, 0, 0, 0, Kit.section(5, 1, 0, 1),
                 Kit.section(6, 1, I, 1, Kit.i32(0), 11), Kit.sectionOf(7, Kit.export("f", 0, 0)),
-                Kit.sectionOf(10, Kit.body(0x10, 1), Kit.body(Kit.i32(77), 0x24, 0, 0x10, 2), Kit.body(Kit.i32(3), Kit.i32(9), 0x36, 0, 0, 0))));
+                Kit.sectionOf(10, Kit.body(0x10, 1), Kit.body(Kit.i32(77), 0x24, 0, 0x10, 2),
+                Kit.body(Kit.i32(3), Kit.i32(9), 0x36, 0, 0, 0))));
         x.invoke(made, 0);
         Kit.same("run", x.run(7), 2);
         Kit.same("calls", x.calls(), 3);
@@ -291,8 +300,10 @@ public final class RunsTest {
     private static void manyNames() {
         Kit.sentence("and as many names as calls of name()");
         StackHost x = new StackHost();
-        int first = Kit.instance(x, Kit.module(Kit.section(6, 1, I, 0, Kit.i32(1), 11), Kit.sectionOf(7, Kit.export("v", 3, 0))));
-        int second = Kit.instance(x, Kit.module(Kit.section(6, 1, I, 0, Kit.i32(2), 11), Kit.sectionOf(7, Kit.export("v", 3, 0))));
+        int first = Kit.instance(x, Kit.module(Kit.section(6, 1, I, 0, Kit.i32(1), 11),
+                Kit.sectionOf(7, Kit.export("v", 3, 0))));
+        int second = Kit.instance(x, Kit.module(Kit.section(6, 1, I, 0, Kit.i32(2), 11),
+                Kit.sectionOf(7, Kit.export("v", 3, 0))));
         for (int k = 0; k < 500; k++) {
             Kit.name(x, k % 3 == 0 ? second : first, "name" + k);
         }
@@ -305,8 +316,9 @@ public final class RunsTest {
     private static void firstNamedException() {
         Kit.sentence("Methods throw what their comments name, the one named first when several would do.");
         StackHost x = new StackHost();
-        int made = Kit.instance(x, Kit.module(Kit.sectionOf(1, Kit.type(Kit.of(I))), 3, 2, 1, 0, Kit.section(5, 1, 0, 0),
-                Kit.sectionOf(7, Kit.export("f", 0, 0), Kit.export("m", 2, 0)), Kit.sectionOf(10, Kit.body(Kit.i32(0), DROP))));
+        int made = Kit.instance(x, Kit.module(Kit.sectionOf(1, Kit.type(Kit.of(I))), 3, 2, 1, 0,
+                Kit.section(5, 1, 0, 0), Kit.sectionOf(7, Kit.export("f", 0, 0), Kit.export("m", 2, 0)),
+                Kit.sectionOf(10, Kit.body(Kit.i32(0), DROP))));
         Kit.illegalArgument("run(-1), nothing under way", () -> x.run(-1));
         Kit.illegalArgument("run(1000001), nothing under way", () -> x.run(1000001));
         x.push(1);
@@ -356,8 +368,9 @@ public final class RunsTest {
     private static void numbersOutside() {
         Kit.sentence("IndexOutOfBoundsException: there is no such module, instance, or number.");
         StackHost x = new StackHost();
-        Kit.instance(x, Kit.module(Kit.sectionOf(1, VOID_TYPE), 3, 2, 1, 0, Kit.section(4, 1, 112, 0, 1), Kit.section(5, 1, 0, 1),
-                Kit.section(6, 1, I, 0, Kit.i32(0), 11), Kit.sectionOf(7, Kit.export("f", 0, 0)), Kit.sectionOf(10, Kit.body())));
+        Kit.instance(x, Kit.module(Kit.sectionOf(1, VOID_TYPE), 3, 2, 1, 0, Kit.section(4, 1, 112, 0, 1),
+                Kit.section(5, 1, 0, 1), Kit.section(6, 1, I, 0, Kit.i32(0), 11),
+                Kit.sectionOf(7, Kit.export("f", 0, 0)), Kit.sectionOf(10, Kit.body())));
         for (int none : new int[] {-1, 1, 2, 63, 64, 65, 24, 65536, Integer.MAX_VALUE, Integer.MIN_VALUE}) {
             Kit.outside("module", () -> x.module(none, 0));
             Kit.outside("room", () -> x.room(none, 0));

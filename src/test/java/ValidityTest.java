@@ -95,7 +95,8 @@ public final class ValidityTest {
     }
 
     private static void importedOnesFirst() {
-        Kit.sentence("functions, tables, memories and variables are numbered from 0, the imported ones first, then its own");
+        Kit.sentence("functions, tables, memories and variables are numbered from 0, the imported ones first, then "
+                + "its own");
         byte[] head = Kit.module(Kit.sectionOf(1, VOID_TYPE, Kit.type(Kit.of(), L)),
                 Kit.section(2, 2, function(1), Kit.bytes(0, 0, 3, F, 0)), Kit.section(3, 1, 0),
                 Kit.section(6, 1, D, 0, Kit.f64(1), 11));
@@ -114,11 +115,13 @@ public final class ValidityTest {
     }
 
     private static void theOrder() {
-        Kit.sentence("In this order the first of these faults counts, each at the first byte of what is named in brackets");
+        Kit.sentence("In this order the first of these faults counts, each at the first byte of what is named in "
+                + "brackets");
         byte[][] wrong = {Kit.sectionOf(1, VOID_TYPE, Kit.type(Kit.of(), I, I)), Kit.section(2, 1, function(9)),
-            Kit.section(3, 1, 9), Kit.section(4, 1, 112, 1, 2, 1), Kit.section(5, 1, 1, 2, 1), Kit.section(6, 1, I, 0, 11),
-            Kit.section(7, 1, 0, 0, 9), Kit.section(8, 9), Kit.section(9, 1, 5, 0x41, 0, 11, 0),
-            Kit.section(11, 1, 5, 0x41, 0, 11, 0), Kit.section(10, 1, Kit.body(DROP))};
+                Kit.section(3, 1, 9), Kit.section(4, 1, 112, 1, 2, 1), Kit.section(5, 1, 1, 2, 1),
+                Kit.section(6, 1, I, 0, 11), Kit.section(7, 1, 0, 0, 9), Kit.section(8, 9),
+                Kit.section(9, 1, 5, 0x41, 0, 11, 0), Kit.section(11, 1, 5, 0x41, 0, 11, 0),
+                Kit.section(10, 1, Kit.body(DROP))};
         byte[][] healthy = {Kit.sectionOf(1, VOID_TYPE), Kit.bytes(), Kit.section(3, 1, 0), Kit.bytes(), Kit.bytes(),
             Kit.bytes(), Kit.bytes(), Kit.bytes(), Kit.bytes(), Kit.bytes(), Kit.section(10, 1, Kit.body())};
         int[] faults = {28, 20, 20, 25, 25, 26, 20, 20, 20, 20, 21};
@@ -143,7 +146,8 @@ public final class ValidityTest {
         Kit.faults("two", Kit.module(Kit.sectionOf(1, Kit.type(Kit.of(), I, I))), 28, 11);
         Kit.faults("three", Kit.module(Kit.sectionOf(1, Kit.type(Kit.of(), I, L, F))), 28, 11);
         Kit.faults("two of the second", Kit.module(Kit.sectionOf(1, VOID_TYPE, Kit.type(Kit.of(I), I, I))), 28, 14);
-        Kit.faults("the first of two", Kit.module(Kit.sectionOf(1, Kit.type(Kit.of(), I, I), Kit.type(Kit.of(), I, I))), 28, 11);
+        Kit.faults("the first of two", Kit.module(Kit.sectionOf(1, Kit.type(Kit.of(), I, I), Kit.type(Kit.of(), I, I))),
+                28, 11);
     }
 
     private static void importedFunctions() {
@@ -156,24 +160,30 @@ public final class ValidityTest {
         Kit.faults("2 to the power of 32, less 1", Kit.module(types, Kit.sectionOf(2, function(0xFFFFFFFFL))), 20, 17);
         Kit.faults("an earlier import comes first", Kit.module(2, 11, 2, 0, 0, 2, 1, 2, 1, 0, 0, 0, 9), 25, 11);
         Kit.faults("an earlier import comes first", Kit.module(2, 11, 2, 0, 0, 0, 9, 0, 0, 2, 1, 2, 1), 20, 11);
+        Kit.faults("also behind a right one", Kit.module(2, 17, 3, 0, 0, 1, 112, 0, 0, 0, 0, 0, 9, 0, 0, 2, 1, 2, 1),
+                20, 17);
     }
 
     private static void limitsOfImports() {
-        Kit.sentence("25, of a table or memory the most is below the least, or, of a memory, one of them is above 65536");
+        Kit.sentence("25, of a table or memory the most is below the least, or, of a memory, one of them is above "
+                + "65536");
         Kit.faults("table, most below least", Kit.module(2, 8, 1, 0, 0, 1, 112, 1, 2, 1), 25, 11);
         Kit.valid("table, most is least", Kit.module(2, 8, 1, 0, 0, 1, 112, 1, 2, 2));
         Kit.faults("memory, most below least", Kit.module(2, 7, 1, 0, 0, 2, 1, 2, 1), 25, 11);
         Kit.valid("memory, most is least", Kit.module(2, 7, 1, 0, 0, 2, 1, 2, 2));
         Kit.faults("memory, least above", Kit.module(Kit.section(2, 1, 0, 0, 2, 0, Kit.count(65537))), 25, 11);
         Kit.faults("memory, most above", Kit.module(Kit.section(2, 1, 0, 0, 2, 1, 1, Kit.count(65537))), 25, 11);
-        Kit.faults("memory, most far above", Kit.module(Kit.section(2, 1, 0, 0, 2, 1, 1, Kit.count(0xFFFFFFFFL))), 25, 11);
-        Kit.faults("memory, least far above", Kit.module(Kit.section(2, 1, 0, 0, 2, 0, Kit.count(0x80000000L))), 25, 11);
+        Kit.faults("memory, most far above", Kit.module(Kit.section(2, 1, 0, 0, 2, 1, 1, Kit.count(0xFFFFFFFFL))), 25,
+                11);
+        Kit.faults("memory, least far above", Kit.module(Kit.section(2, 1, 0, 0, 2, 0, Kit.count(0x80000000L))), 25,
+                11);
         Kit.valid("memory, 65536", Kit.module(Kit.section(2, 1, 0, 0, 2, 1, Kit.count(65536), Kit.count(65536))));
         Kit.valid("memory, least 65536", Kit.module(Kit.section(2, 1, 0, 0, 2, 0, Kit.count(65536))));
         Kit.valid("a table above", Kit.module(Kit.section(2, 1, 0, 0, 1, 112, 1, Kit.count(65537), Kit.count(65537))));
         Kit.valid("a table with the greatest limits", Kit.module(Kit.section(2, 1, 0, 0, 1, 112, 1,
                 Kit.count(0xFFFFFFFFL), Kit.count(0xFFFFFFFFL))));
-        Kit.faults("limits have no sign", Kit.module(Kit.section(2, 1, 0, 0, 1, 112, 1, Kit.count(0xFFFFFFFFL), 1)), 25, 11);
+        Kit.faults("limits have no sign", Kit.module(Kit.section(2, 1, 0, 0, 1, 112, 1, Kit.count(0xFFFFFFFFL), 1)), 25,
+                11);
         Kit.valid("limits have no sign", Kit.module(Kit.section(2, 1, 0, 0, 1, 112, 1, 1, Kit.count(0xFFFFFFFFL))));
     }
 
@@ -192,8 +202,10 @@ public final class ValidityTest {
         Kit.valid("there is", Kit.module(types, 3, 3, 2, 0, 0, code));
         Kit.faults("the first", Kit.module(types, 3, 3, 2, 1, 0, code), 20, 17);
         Kit.faults("the second", Kit.module(types, 3, 3, 2, 0, 1, code), 20, 18);
-        Kit.faults("2 to the power of 31", Kit.module(types, Kit.section(3, 2, 0, Kit.count(0x80000000L)), code), 20, 18);
-        Kit.faults("2 to the power of 32, less 1", Kit.module(types, Kit.section(3, 2, 0, Kit.count(0xFFFFFFFFL)), code), 20, 18);
+        Kit.faults("2 to the power of 31", Kit.module(types, Kit.section(3, 2, 0, Kit.count(0x80000000L)), code), 20,
+                18);
+        Kit.faults("2 to the power of 32, less 1", Kit.module(types, Kit.section(3, 2, 0, Kit.count(0xFFFFFFFFL)),
+                code), 20, 18);
     }
 
     private static void ownTablesAndMemories() {
@@ -222,15 +234,16 @@ public final class ValidityTest {
         for (int a = 0; a < 4; a++) {
             for (int b = 0; b < 4; b++) {
                 byte[] module = Kit.module(Kit.section(6, 1, TYPES[a], 0, constant(TYPES[b]), 11));
-                Kit.faults("a number of type " + b + " for a variable of type " + a, module, a == b ? 0 : 21, a == b ? 0 : 13);
+                Kit.faults("a number of type " + b + " for a variable of type " + a, module, a == b ? 0 : 21,
+                        a == b ? 0 : 13);
             }
         }
         Kit.faults("the second", Kit.module(Kit.section(6, 2, I, 0, 0x41, 0, 11, L, 0, 0x41, 0, 11)), 21, 18);
     }
 
     private static byte[] oneOfEach() {
-        return Kit.module(Kit.sectionOf(1, VOID_TYPE), Kit.section(2, 1, function(0)), 4, 4, 1, 112, 0, 9, 5, 3, 1, 0, 1, 6, 6, 1,
-                I, 0, 0x41, 0, 11);
+        return Kit.module(Kit.sectionOf(1, VOID_TYPE), Kit.section(2, 1, function(0)), 4, 4, 1, 112, 0, 9, 5, 3, 1, 0,
+                1, 6, 6, 1, I, 0, 0x41, 0, 11);
     }
 
     private static void exportsOfNothing() {
@@ -240,10 +253,10 @@ public final class ValidityTest {
             Kit.faults("nothing of kind " + kind, Kit.module(7, 4, 1, 0, kind, 0), 20, 11);
             Kit.valid("something of kind " + kind, Kit.join(all, 7, 4, 1, 0, kind, 0));
             Kit.faults("no second of kind " + kind, Kit.join(all, 7, 4, 1, 0, kind, 1), 20, all.length + 3);
-            Kit.faults("none of so high a number", Kit.join(all, Kit.section(7, 1, 0, kind, Kit.count(0x80000000L))), 20,
-                    all.length + 3);
-            Kit.faults("none of the highest number", Kit.join(all, Kit.section(7, 1, 0, kind, Kit.count(0xFFFFFFFFL))), 20,
-                    all.length + 3);
+            Kit.faults("none of so high a number", Kit.join(all, Kit.section(7, 1, 0, kind, Kit.count(0x80000000L))),
+                    20, all.length + 3);
+            Kit.faults("none of the highest number", Kit.join(all, Kit.section(7, 1, 0, kind, Kit.count(0xFFFFFFFFL))),
+                    20, all.length + 3);
         }
     }
 
@@ -270,7 +283,8 @@ public final class ValidityTest {
         Kit.valid("start", Kit.join(all, 8, 1, 0));
         Kit.faults("no such function", Kit.join(all, 8, 1, 1), 20, all.length + 2);
         Kit.faults("2 to the power of 31", Kit.join(all, Kit.section(8, Kit.count(0x80000000L))), 20, all.length + 2);
-        Kit.faults("2 to the power of 32, less 1", Kit.join(all, Kit.section(8, Kit.count(0xFFFFFFFFL))), 20, all.length + 2);
+        Kit.faults("2 to the power of 32, less 1", Kit.join(all, Kit.section(8, Kit.count(0xFFFFFFFFL))), 20,
+                all.length + 2);
         for (byte[] type : new byte[][] {Kit.type(Kit.of(I)), Kit.type(Kit.of(), I), Kit.type(Kit.of(D), D)}) {
             byte[] module = Kit.module(Kit.sectionOf(1, type), Kit.section(2, 1, function(0)), 8, 1, 0);
             Kit.faults("parameters or results", module, 21, module.length - 1);
@@ -278,8 +292,8 @@ public final class ValidityTest {
     }
 
     private static void elements() {
-        Kit.sentence("Elements (one): 20, there is no such table; the faults of its expression, of type I; 20, a function is not "
-                + "there (at its own number).");
+        Kit.sentence("Elements (one): 20, there is no such table; the faults of its expression, of type I; 20, a "
+                + "function is not there (at its own number).");
         byte[] none = Kit.module(Kit.sectionOf(1, VOID_TYPE), Kit.section(2, 1, function(0)));
         byte[] base = oneOfEach();
         byte[] some = Kit.join(none, 4, 4, 1, 112, 0, 9);
@@ -287,9 +301,11 @@ public final class ValidityTest {
         Kit.valid("elements", Kit.join(some, Kit.section(9, 1, 0, 0x41, 0, 11, 2, 0, 0)));
         Kit.valid("elements with all else", Kit.join(base, Kit.section(9, 1, 0, 0x41, 0, 11, 2, 0, 0)));
         Kit.faults("no table", Kit.join(none, Kit.section(9, 1, 0, 0x41, 0, 11, 0)), 20, none.length + 3);
-        Kit.faults("table 1, in the second row", Kit.join(some, Kit.section(9, 2, 0, 0x41, 0, 11, 0, 1, 0x41, 0, 11, 0)), 20, at + 5);
+        Kit.faults("table 1, in the second row", Kit.join(some, Kit.section(9, 2, 0, 0x41, 0, 11, 0, 1, 0x41, 0, 11,
+                0)), 20, at + 5);
         Kit.faults("no table, before the expression", Kit.join(some, Kit.section(9, 1, 1, 0x42, 0, 11, 1, 5)), 20, at);
-        Kit.faults("table 2 to the power of 31", Kit.join(some, Kit.section(9, 1, Kit.count(0x80000000L), 0x41, 0, 11, 0)), 20, at);
+        Kit.faults("table 2 to the power of 31", Kit.join(some, Kit.section(9, 1, Kit.count(0x80000000L), 0x41, 0, 11,
+                0)), 20, at);
         for (int type : new int[] {L, F, D}) {
             Kit.faults("an expression of type " + type + ", before the functions",
                     Kit.join(some, Kit.section(9, 1, 0, constant(type), 11, 1, 5)), 21, at + 1);
@@ -298,8 +314,10 @@ public final class ValidityTest {
         Kit.faults("the second function", Kit.join(some, Kit.section(9, 1, 0, 0x41, 0, 11, 3, 0, 1, 2)), 20, at + 6);
         Kit.faults("of counts of many bytes", Kit.join(some, Kit.section(9, 1, 0, 0x41, 0, 11, 3, 0x80, 0, 0,
                 Kit.count(0xFFFFFFFFL))), 20, at + 8);
-        Kit.faults("2 to the power of 31", Kit.join(some, Kit.section(9, 1, 0, 0x41, 0, 11, 1, Kit.count(0x80000000L))), 20, at + 5);
-        Kit.faults("in the second row", Kit.join(some, Kit.section(9, 2, 0, 0x41, 0, 11, 1, 0, 0, 0x41, 0, 11, 2, 0, 1)), 20, at + 12);
+        Kit.faults("2 to the power of 31", Kit.join(some, Kit.section(9, 1, 0, 0x41, 0, 11, 1, Kit.count(0x80000000L))),
+                20, at + 5);
+        Kit.faults("in the second row", Kit.join(some, Kit.section(9, 2, 0, 0x41, 0, 11, 1, 0, 0, 0x41, 0, 11, 2, 0,
+                1)), 20, at + 12);
     }
 
     private static void data() {
@@ -310,9 +328,11 @@ public final class ValidityTest {
         Kit.valid("data", Kit.join(some, Kit.section(11, 1, 0, 0x41, 0, 11, 2, 7, 7)));
         Kit.faults("no memory", Kit.join(none, Kit.section(11, 1, 0, 0x41, 0, 11, 0)), 20, none.length + 3);
         Kit.faults("memory 1", Kit.join(some, Kit.section(11, 2, 0, 0x41, 0, 11, 0, 1, 0x42, 0, 11, 0)), 20, at + 5);
-        Kit.faults("memory 2 to the power of 31", Kit.join(some, Kit.section(11, 1, Kit.count(0x80000000L), 0x41, 0, 11, 0)), 20, at);
+        Kit.faults("memory 2 to the power of 31", Kit.join(some, Kit.section(11, 1, Kit.count(0x80000000L), 0x41, 0, 11,
+                0)), 20, at);
         for (int type : new int[] {L, F, D}) {
-            Kit.faults("an expression of type " + type, Kit.join(some, Kit.section(11, 1, 0, constant(type), 11, 0)), 21, at + 1);
+            Kit.faults("an expression of type " + type, Kit.join(some, Kit.section(11, 1, 0, constant(type), 11, 0)),
+                    21, at + 1);
         }
         Kit.faults("an expression of no number", Kit.join(some, Kit.section(11, 1, 0, 0x6A, 11, 0)), 26, at + 1);
         Kit.faults("an expression of two", Kit.join(some, Kit.section(11, 1, 0, 0x41, 0, 1, 11, 0)), 26, at + 3);
@@ -340,8 +360,8 @@ public final class ValidityTest {
     }
 
     private static void expressionsOfVariables() {
-        Kit.sentence("20 there, if 0x23 names no variable that is imported; 26 there, if that one is changing; 21 there, if its "
-                + "type is not that");
+        Kit.sentence("20 there, if 0x23 names no variable that is imported; 26 there, if that one is changing; 21 "
+                + "there, if its type is not that");
         // An imported variable takes places 11 to 15; the expression of section 6 begins at 21.
         byte[] fixed = Kit.module(2, 6, 1, 0, 0, 3, I, 0);
         byte[] changing = Kit.module(2, 6, 1, 0, 0, 3, I, 1);
@@ -349,13 +369,15 @@ public final class ValidityTest {
         Kit.valid("an imported one", Kit.join(fixed, 6, 6, 1, I, 0, 0x23, 0, 11));
         Kit.faults("there is none", Kit.join(fixed, 6, 6, 1, I, 0, 0x23, 1, 11), 20, 21);
         Kit.faults("there is none", Kit.module(6, 6, 1, I, 0, 0x23, 0, 11), 20, 13);
-        Kit.faults("2 to the power of 31", Kit.join(fixed, Kit.section(6, 1, I, 0, 0x23, Kit.count(0x80000000L), 11)), 20, 21);
+        Kit.faults("2 to the power of 31", Kit.join(fixed, Kit.section(6, 1, I, 0, 0x23, Kit.count(0x80000000L), 11)),
+                20, 21);
         Kit.faults("its own", Kit.join(fixed, Kit.section(6, 2, I, 0, 0x41, 0, 11, I, 0, 0x23, 1, 11)), 20, 26);
         Kit.faults("a changing one", Kit.join(changing, 6, 6, 1, I, 0, 0x23, 0, 11), 26, 21);
         Kit.faults("a changing one of another type", Kit.join(changing, 6, 6, 1, L, 0, 0x23, 0, 11), 26, 21);
         Kit.faults("one of another type", Kit.join(longer, 6, 6, 1, I, 0, 0x23, 0, 11), 21, 21);
         Kit.valid("a changing variable from a fixed one", Kit.join(longer, 6, 6, 1, L, 1, 0x23, 0, 11));
-        Kit.faults("the offset of data, of another type", Kit.join(longer, 5, 3, 1, 0, 1, 11, 6, 1, 0, 0x23, 0, 11, 0), 21, 25);
+        Kit.faults("the offset of data, of another type", Kit.join(longer, 5, 3, 1, 0, 1, 11, 6, 1, 0, 0x23, 0, 11, 0),
+                21, 25);
     }
 
     private static void expressionsOfTypes() {
@@ -401,7 +423,8 @@ public final class ValidityTest {
         plain("0x20 of no local", 20, 0, 0x20, 0);
         plain("0x21 of no local", 20, 0, 0x21, 0);
         plain("0x24 of no variable", 20, 0, 0x24, 0);
-        byte[] head = Kit.module(Kit.sectionOf(1, VOID_TYPE), 3, 2, 1, 0, 5, 3, 1, 0, 0, Kit.section(6, 1, L, 0, Kit.i64(0), 11));
+        byte[] head = Kit.module(Kit.sectionOf(1, VOID_TYPE), 3, 2, 1, 0, 5, 3, 1, 0, 0,
+                Kit.section(6, 1, L, 0, Kit.i64(0), 11));
         called("0x28 with a power too high, without an operand", head, 22, 0, 0x28, 3, 0);
         called("0x36 with a power too high, without an operand", head, 22, 0, 0x36, 3, 0);
         called("0x24 of a fixed variable, without an operand", head, 23, 0, 0x24, 0);
@@ -409,11 +432,13 @@ public final class ValidityTest {
     }
 
     private static void theCheckBeginsAnew() {
-        Kit.sentence("THE CHECK of a body has a row of OPERAND TYPES, empty at first, and a row of OPEN things: the body itself first");
+        Kit.sentence("THE CHECK of a body has a row of OPERAND TYPES, empty at first, and a row of OPEN things: the "
+                + "body itself first");
         StackHost x = new StackHost();
         byte[] head = Kit.module(Kit.sectionOf(1, VOID_TYPE), 3, 3, 2, 0, 0);
         // What a check that ends with a fault has left behind does not count for the next one.
-        byte[] faulty = Kit.join(head, Kit.section(10, 2, Kit.body(Kit.i32(0), Kit.i32(0), 2, 64, 3, 64, Kit.i32(0), 0, 0x7C, 0x45, 0x1A, 11, 11), Kit.body()));
+        byte[] faulty = Kit.join(head, Kit.section(10, 2, Kit.body(Kit.i32(0), Kit.i32(0), 2, 64, 3, 64, Kit.i32(0), 0,
+                0x7C, 0x45, 0x1A, 11, 11), Kit.body()));
         byte[] beyond = Kit.join(head, Kit.section(10, 2, Kit.body(0x0C, 1), Kit.body()));
         byte[] nothing = Kit.join(head, Kit.section(10, 2, Kit.body(DROP), Kit.body()));
         byte[] right = Kit.join(head, Kit.section(10, 2, Kit.body(Kit.i32(0), DROP), Kit.body(2, 64, 0x0C, 1, 11)));
@@ -431,8 +456,8 @@ public final class ValidityTest {
     }
 
     private static void openThings() {
-        Kit.sentence("each has a LABEL TYPE (a value type or nothing), an END TYPE (likewise), and a HEIGHT, how many operand "
-                + "types there were when it opened");
+        Kit.sentence("each has a LABEL TYPE (a value type or nothing), an END TYPE (likewise), and a HEIGHT, how "
+                + "many operand types there were when it opened");
         for (int type : TYPES) {
             byte[] result = Kit.type(Kit.of(), type);
             body("the body's label type", result, 0, 0, constant(type), 0x0C, 0);
@@ -442,7 +467,8 @@ public final class ValidityTest {
             plain("0x02 with another type", 21, 2 + constant(other).length, 2, type, constant(other), 11, DROP);
         }
         plain("what was there when it opened cannot be taken", 21, 4, Kit.i32(0), 2, 64, DROP, 11);
-        plain("nor what was there when an inner one opened", 21, 8, Kit.i32(0), 2, 64, Kit.i32(0), 3, 64, DROP, 11, DROP, 11);
+        plain("nor what was there when an inner one opened", 21, 8, Kit.i32(0), 2, 64, Kit.i32(0), 3, 64, DROP, 11,
+                DROP, 11);
         right("when it is closed it can be taken", Kit.i32(0), 2, 64, 11, DROP);
         plain("0x04 opens when its I is taken", 21, 4, Kit.i32(0), 4, 64, DROP, 11);
         right("0x04 opens when its I is taken", Kit.i32(0), Kit.i32(0), 4, 64, 5, 11, DROP);
@@ -454,7 +480,8 @@ public final class ValidityTest {
         int[] types = {I, L, F, D, D, I};
         for (int k = 0; k < types.length; k++) {
             for (int type : TYPES) {
-                byte[] module = Kit.join(head, Kit.section(10, 1, Kit.sized(4, 1, F, 0, I, 2, D, 1, I, 0x20, k, tests(type), DROP, 11)));
+                byte[] module = Kit.join(head, Kit.section(10, 1, Kit.sized(4, 1, F, 0, I, 2, D, 1, I, 0x20, k,
+                        tests(type), DROP, 11)));
                 boolean fits = type == types[k];
                 Kit.faults("local " + k + " of type " + type, module, fits ? 0 : 21, fits ? 0 : module.length - 3);
             }
@@ -468,8 +495,8 @@ public final class ValidityTest {
     }
 
     private static void takingFromNothing() {
-        Kit.sentence("if there are no more operand types than the latest open thing's height, it is any, when that is DEAD, else "
-                + "fault 21");
+        Kit.sentence("if there are no more operand types than the latest open thing's height, it is any, when that "
+                + "is DEAD, else fault 21");
         plain("nothing", 21, 0, DROP);
         plain("one of two", 21, 2, Kit.i32(0), 0x6A);
         plain("only what is above the height", 21, 6, Kit.i32(0), 2, I, Kit.i32(0), 0x6A, 11, DROP, DROP);
@@ -514,14 +541,15 @@ public final class ValidityTest {
     }
 
     private static void opening() {
-        Kit.sentence("0x02, 0x03 and 0x04 (which first takes I) open one, then, with the result t that is written with them: end "
-                + "type t, label type t, but nothing for 0x03.");
+        Kit.sentence("0x02, 0x03 and 0x04 (which first takes I) open one, then, with the result t that is written "
+                + "with them: end type t, label type t, but nothing for 0x03.");
         plain("0x04 of nothing", 21, 0, 4, 64, 11);
         plain("0x04 of L", 21, 2, Kit.i64(0), 4, 64, 11);
         for (int type : TYPES) {
             right("0x02 with " + type, 2, type, constant(type), 0x0C, 0, 11, tests(type), DROP);
             right("0x03 with " + type, 3, type, constant(type), 11, tests(type), DROP);
-            right("0x04 with " + type, Kit.i32(0), 4, type, constant(type), 0x0C, 0, 5, constant(type), 11, tests(type), DROP);
+            right("0x04 with " + type, Kit.i32(0), 4, type, constant(type), 0x0C, 0, 5, constant(type), 11, tests(type),
+                    DROP);
             plain("0x02 with " + type + ", without it", 21, 2, 2, type, 11, DROP);
             plain("0x03 with " + type + ", without it", 21, 2, 3, type, 11, DROP);
             plain("to 0x02 without its value", 21, 2, 2, type, 0x0C, 0, 11, DROP);
@@ -533,8 +561,8 @@ public final class ValidityTest {
     }
 
     private static void elses() {
-        Kit.sentence("0x05 takes t, and there must be no operand type above the height (21); it opens another one likewise with t "
-                + "in its stead.");
+        Kit.sentence("0x05 takes t, and there must be no operand type above the height (21); it opens another one "
+                + "likewise with t in its stead.");
         right("0x04 with a result", Kit.i32(0), 4, I, Kit.i32(0), 5, Kit.i32(0), 11, DROP);
         plain("0x05 without t", 21, 4, Kit.i32(0), 4, I, 5, Kit.i32(0), 11, DROP);
         plain("0x05 with another", 21, 6, Kit.i32(0), 4, I, Kit.i64(0), 5, Kit.i32(0), 11, DROP);
@@ -550,8 +578,8 @@ public final class ValidityTest {
     }
 
     private static void ends() {
-        Kit.sentence("0x0B takes the end type, with no operand type left above the height (21); one that was opened by 0x04, "
-                + "without 0x05, must have no t (21); what is open is so no more, and t is put.");
+        Kit.sentence("0x0B takes the end type, with no operand type left above the height (21); one that was opened "
+                + "by 0x04, without 0x05, must have no t (21); what is open is so no more, and t is put.");
         plain("without its type", 21, 2, 2, I, 11, DROP);
         plain("with another type", 21, 4, 2, I, Kit.i64(0), 11, DROP);
         plain("one too many", 21, 4, 2, 64, Kit.i32(0), 11);
@@ -571,7 +599,8 @@ public final class ValidityTest {
         Kit.sentence("With the body's own end (its types are the function's result) the check of the body ends.");
         for (int a : TYPES) {
             for (int b : TYPES) {
-                body("result " + a + " of " + b, Kit.type(Kit.of(), a), a == b ? 0 : 21, constant(b).length, constant(b));
+                body("result " + a + " of " + b, Kit.type(Kit.of(), a), a == b ? 0 : 21, constant(b).length,
+                        constant(b));
             }
             body("no result", Kit.type(Kit.of(), a), 21, 0);
             body("a result where there is none", VOID_TYPE, 21, constant(a).length, constant(a));
@@ -581,15 +610,16 @@ public final class ValidityTest {
     }
 
     private static void labels() {
-        Kit.sentence("LABELS are counted from 0, the latest open thing, outward; the body's own is the last (20 beyond).");
+        Kit.sentence("LABELS are counted from 0, the latest open thing, outward; the body's own is the last (20 "
+                + "beyond).");
         byte[] result = Kit.type(Kit.of(), L);
         // Three labels of three types: each branch needs just the type of its own.
         int[] types = {I, F, L};
         for (int label = 0; label < 3; label++) {
             for (int k = 0; k < 3; k++) {
                 byte[] value = constant(types[k]);
-                body("label " + label + " with " + types[k], result, label == k ? 0 : 21, 4 + value.length, 2, F, 2, I, value, 0x0C,
-                        label, 11, DROP, Kit.f32(0), 11, DROP, Kit.i64(0));
+                body("label " + label + " with " + types[k], result, label == k ? 0 : 21, 4 + value.length, 2, F, 2, I,
+                        value, 0x0C, label, 11, DROP, Kit.f32(0), 11, DROP, Kit.i64(0));
             }
         }
         for (int op : new int[] {0x0C, 0x0D}) {
@@ -626,8 +656,8 @@ public final class ValidityTest {
     }
 
     private static void branchesAmong() {
-        Kit.sentence("0x0E: all its labels must be there (20), then have the same label type (21); then it takes I, takes that, "
-                + "and is dead");
+        Kit.sentence("0x0E: all its labels must be there (20), then have the same label type (21); then it takes I, "
+                + "takes that, and is dead");
         right("of one", Kit.i32(0), 0x0E, 0, 0);
         right("of two", Kit.i32(0), 0x0E, 1, 0, 0, DROP);
         plain("the first is not there", 20, 0, 0x0E, 2, 1, 0, 0);
@@ -656,8 +686,8 @@ public final class ValidityTest {
             body("in 0x02", Kit.type(Kit.of(), type), 0, 0, 2, 64, constant(type), 0x0F, DROP, 11, 0);
             body("without the result", Kit.type(Kit.of(), type), 21, 0, 0x0F);
             body("with another", Kit.type(Kit.of(), type), 21, 2, type == I ? Kit.i64(0) : Kit.i32(0), 0x0F);
-            body("it cannot take from outside", Kit.type(Kit.of(), type), 21, constant(type).length + 2, constant(type), 2, 64, 0x0F,
-                    11);
+            body("it cannot take from outside", Kit.type(Kit.of(), type), 21, constant(type).length + 2, constant(type),
+                    2, 64, 0x0F, 11);
         }
         right("without a result", Kit.i32(0), 0x0F, DROP);
     }
@@ -670,8 +700,10 @@ public final class ValidityTest {
     }
 
     private static void calls() {
-        Kit.sentence("0x10 takes the parameters of a function, the last one first, and puts its result (20: it is not there).");
-        byte[] head = Kit.module(Kit.sectionOf(1, VOID_TYPE, Kit.type(Kit.of(I, L), F)), Kit.section(2, 1, function(1)), 3, 2, 1, 0);
+        Kit.sentence("0x10 takes the parameters of a function, the last one first, and puts its result (20: it is "
+                + "not there).");
+        byte[] head = Kit.module(Kit.sectionOf(1, VOID_TYPE, Kit.type(Kit.of(I, L), F)), Kit.section(2, 1, function(1)),
+                3, 2, 1, 0);
         called("0x10", head, 0, 0, Kit.i32(0), Kit.i64(0), 0x10, 0, 0x8B, DROP);
         called("of itself", head, 0, 0, 0x10, 1);
         called("of none", head, 20, 0, 0x10, 2);
@@ -695,8 +727,8 @@ public final class ValidityTest {
         called("with parameters", table, 0, 0, Kit.i32(0), Kit.i64(0), Kit.i32(5), 0x11, 1, 0, 0x8B, DROP);
         called("I comes last", table, 21, 6, Kit.i32(0), Kit.i32(5), Kit.i64(0), 0x11, 1, 0, DROP);
         called("with its parameters turned", table, 21, 6, Kit.i64(0), Kit.i32(0), Kit.i32(5), 0x11, 1, 0, DROP);
-        called("with an imported table", Kit.module(Kit.sectionOf(1, VOID_TYPE), 2, 7, 1, 0, 0, 1, 112, 0, 0, 3, 2, 1, 0), 0, 0,
-                Kit.i32(0), 0x11, 0, 0);
+        called("with an imported table", Kit.module(Kit.sectionOf(1, VOID_TYPE), 2, 7, 1, 0, 0, 1, 112, 0, 0, 3, 2, 1,
+                0), 0, 0, Kit.i32(0), 0x11, 0, 0);
     }
 
     private static void drops() {
@@ -709,18 +741,20 @@ public final class ValidityTest {
     }
 
     private static void selects() {
-        Kit.sentence("0x1B takes I, takes any, takes that type (any, if that was ANY), and puts the type of both that is not ANY, or "
-                + "ANY.");
+        Kit.sentence("0x1B takes I, takes any, takes that type (any, if that was ANY), and puts the type of both "
+                + "that is not ANY, or ANY.");
         for (int a : TYPES) {
             for (int b : TYPES) {
                 int length = constant(a).length + constant(b).length + 2;
-                plain("0x1B of " + a + " and " + b, a == b ? 0 : 21, length, constant(a), constant(b), Kit.i32(0), 0x1B, DROP);
-                plain("0x1B of two of " + a + " puts it", a == b ? 0 : 21, 2 * constant(a).length + 3, constant(a), constant(a),
-                        Kit.i32(0), 0x1B, tests(b), DROP);
-                plain("one that is known, dead", a == b ? 0 : 21, 4 + constant(a).length, 0, constant(a), Kit.i32(0), 0x1B, tests(b),
+                plain("0x1B of " + a + " and " + b, a == b ? 0 : 21, length, constant(a), constant(b), Kit.i32(0), 0x1B,
                         DROP);
+                plain("0x1B of two of " + a + " puts it", a == b ? 0 : 21, 2 * constant(a).length + 3, constant(a),
+                        constant(a), Kit.i32(0), 0x1B, tests(b), DROP);
+                plain("one that is known, dead", a == b ? 0 : 21, 4 + constant(a).length, 0, constant(a), Kit.i32(0),
+                        0x1B, tests(b), DROP);
                 // An ANY that was put, below one that is known.
-                plain("ANY and " + a, a == b ? 0 : 21, 5 + constant(a).length, 0, 0x1B, constant(a), Kit.i32(0), 0x1B, tests(b), DROP);
+                plain("ANY and " + a, a == b ? 0 : 21, 5 + constant(a).length, 0, 0x1B, constant(a), Kit.i32(0), 0x1B,
+                        tests(b), DROP);
             }
         }
         plain("without I", 21, 15, Kit.f32(0), Kit.f32(0), Kit.f32(0), 0x1B, DROP);
@@ -753,8 +787,8 @@ public final class ValidityTest {
 
     private static void variables() {
         Kit.sentence("0x23 puts a variable's, 0x24 takes it (20 if it is not there; 23 if it is fixed).");
-        byte[] head = Kit.module(Kit.sectionOf(1, VOID_TYPE), Kit.section(2, 2, 0, 0, 3, F, 0, 0, 0, 3, D, 1), 3, 2, 1, 0,
-                Kit.section(6, 1, L, 1, Kit.i64(0), 11));
+        byte[] head = Kit.module(Kit.sectionOf(1, VOID_TYPE), Kit.section(2, 2, 0, 0, 3, F, 0, 0, 0, 3, D, 1), 3, 2, 1,
+                0, Kit.section(6, 1, L, 1, Kit.i64(0), 11));
         called("0x23", head, 0, 0, 0x23, 0, 0x8B, DROP, 0x23, 1, 0x99, DROP, 0x23, 2, 0x50, DROP);
         called("0x23 of another type", head, 21, 2, 0x23, 2, 0x45, DROP);
         called("0x24", head, 0, 0, Kit.i64(1), 0x24, 2);
@@ -793,7 +827,8 @@ public final class ValidityTest {
             byte[] behind = op < 0x36 ? Kit.bytes(DROP) : Kit.bytes();
             long[] written = {0, 1, 2, 3, 4, 5, 31, 32, 33, 63, 64, 0x7FFFFFFFL, 0x80000000L, 0xFFFFFFFFL};
             for (long power : written) {
-                called(op + " with " + power, withMemory(), power <= POWERS[op - 0x28] ? 0 : 22, 1, 0, op, Kit.count(power), 0, behind);
+                called(op + " with " + power, withMemory(), power <= POWERS[op - 0x28] ? 0 : 22, 1, 0, op,
+                        Kit.count(power), 0, behind);
             }
             called("the second count may be any", withMemory(), 0, 0, 0, op, 0, Kit.count(0xFFFFFFFFL), behind);
         }
@@ -807,10 +842,11 @@ public final class ValidityTest {
                 byte[] value = constant(other);
                 if (op < 0x36) {
                     called(op + " of " + other, withMemory(), other == I ? 0 : 21, value.length, value, op, 0, 0, DROP);
-                    called(op + " puts, " + other, withMemory(), other == type ? 0 : 21, 5, Kit.i32(0), op, 0, 0, tests(other), DROP);
+                    called(op + " puts, " + other, withMemory(), other == type ? 0 : 21, 5, Kit.i32(0), op, 0, 0,
+                            tests(other), DROP);
                 } else {
-                    called(op + " of I and " + other, withMemory(), other == type ? 0 : 21, 2 + value.length, Kit.i32(0), value, op,
-                            0, 0);
+                    called(op + " of I and " + other, withMemory(), other == type ? 0 : 21, 2 + value.length,
+                            Kit.i32(0), value, op, 0, 0);
                     called(op + " of " + other + " and its own", withMemory(), other == I ? 0 : 21,
                             value.length + constant(type).length, value, constant(type), op, 0, 0);
                 }
@@ -825,7 +861,8 @@ public final class ValidityTest {
         for (int type : TYPES) {
             called("0x3F", withMemory(), type == I ? 0 : 21, 2, 0x3F, 0, tests(type), DROP);
             called("0x40 puts", withMemory(), type == I ? 0 : 21, 4, Kit.i32(0), 0x40, 0, tests(type), DROP);
-            called("0x40 takes", withMemory(), type == I ? 0 : 21, constant(type).length, constant(type), 0x40, 0, DROP);
+            called("0x40 takes", withMemory(), type == I ? 0 : 21, constant(type).length, constant(type), 0x40, 0,
+                    DROP);
         }
         called("0x40 of nothing", withMemory(), 21, 0, 0x40, 0, DROP);
         plain("0x3F without a memory", 20, 0, 0x3F, 0, DROP);
@@ -862,14 +899,15 @@ public final class ValidityTest {
         for (int other : TYPES) {
             byte[] value = constant(other);
             byte[] last = taken == 1 ? value : Kit.join(operand, value);
-            body("instruction " + op + " of " + other, Kit.type(Kit.of(), put), other == type ? 0 : 21, last.length, last, op);
+            body("instruction " + op + " of " + other, Kit.type(Kit.of(), put), other == type ? 0 : 21, last.length,
+                    last, op);
             if (taken == 2) {
                 byte[] first = Kit.join(value, operand);
-                body("instruction " + op + " of " + other + " first", Kit.type(Kit.of(), put), other == type ? 0 : 21, first.length,
-                        first, op);
+                body("instruction " + op + " of " + other + " first", Kit.type(Kit.of(), put), other == type ? 0 : 21,
+                        first.length, first, op);
             }
-            body("instruction " + op + " puts " + other, Kit.type(Kit.of(), other), other == put ? 0 : 21, before.length + 1,
-                    before, op);
+            body("instruction " + op + " puts " + other, Kit.type(Kit.of(), other), other == put ? 0 : 21,
+                    before.length + 1, before, op);
         }
         byte[] fewer = taken == 1 ? Kit.bytes() : operand;
         body("instruction " + op + " of one less", Kit.type(Kit.of(), put), 21, fewer.length, fewer, op);
@@ -883,13 +921,14 @@ public final class ValidityTest {
     }
 
     private static void rooms() {
-        Kit.sentence("A body's ROOM is the greatest number of operand types that there ever were in its check; the type that is put "
-                + "with the body's own end counts, too.");
+        Kit.sentence("A body's ROOM is the greatest number of operand types that there ever were in its check; the "
+                + "type that is put with the body's own end counts, too.");
         byte[] result = Kit.type(Kit.of(), I);
         Kit.same("nothing", roomOf(VOID_TYPE), 0);
         Kit.same("one", roomOf(VOID_TYPE, Kit.i32(0), DROP), 1);
         Kit.same("parameters are no operands", roomOf(Kit.type(Kit.of(I, I, I))), 0);
-        Kit.same("three at once", roomOf(VOID_TYPE, Kit.i32(0), Kit.i32(0), Kit.i32(0), 0x6A, 0x6A, DROP, Kit.i32(0), DROP), 3);
+        Kit.same("three at once", roomOf(VOID_TYPE, Kit.i32(0), Kit.i32(0), Kit.i32(0), 0x6A, 0x6A, DROP, Kit.i32(0),
+                DROP), 3);
         Kit.same("a result", roomOf(result, Kit.i32(0)), 1);
         Kit.same("the body's end puts its type", roomOf(result, 0), 1);
         Kit.same("a block's end puts its type", roomOf(VOID_TYPE, 2, I, 0, 11, DROP), 1);
