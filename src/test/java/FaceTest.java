@@ -15,16 +15,18 @@ import java.util.regex.Pattern;
 
 /** The public face, and the rules of LANGUAGE.md that can be looked at from outside: 1, 2, 4, 5, 6, 10 and 11. */
 public final class FaceTest {
-    private static final String[] FACE = {"int feed(int,int,int,int,int)", "void end(int)", "int load()", "int fault(int)",
-        "int module(int,int)", "int room(int,int)", "int instantiate(int)", "void name(int)", "int find(int)",
-        "int exported(int,int,int)", "int push(long)", "void invoke(int,int)", "int run(int)", "int stop()", "int calls()",
-        "long result()", "int trap(int)", "int pages(int)", "int peek(int,int)", "void poke(int,int,int)",
-        "long variable(int,int)", "int element(int,int)", "int wrong()", "int outs()", "long out(int)", "int clear()"};
+    private static final String[] FACE = {"int feed(int,int,int,int,int)", "void end(int)", "int load()",
+        "int fault(int)", "int module(int,int)", "int room(int,int)", "int instantiate(int)", "void name(int)",
+        "int find(int)", "int exported(int,int,int)", "int push(long)", "void invoke(int,int)", "int run(int)",
+        "int stop()", "int calls()", "long result()", "int trap(int)", "int pages(int)", "int peek(int,int)",
+        "void poke(int,int,int)", "long variable(int,int)", "int element(int,int)", "int wrong()", "int outs()",
+        "long out(int)", "int clear()"};
 
     /** Of rule 4 only what it names: which others are "their like" is not for this project to say. */
     private static final Set<String> LIBRARY = Set.of("Arrays.copyOf", "Arrays.copyOfRange", "Arrays.fill",
-        "System.arraycopy", "Integer.compare", "Integer.max", "Integer.min", "Integer.bitCount", "Long.compare", "Long.max",
-        "Long.min", "Long.bitCount", "Math.max", "Math.min", "Math.abs", "Math.floorDiv", "Math.floorMod");
+        "System.arraycopy", "Integer.compare", "Integer.max", "Integer.min", "Integer.bitCount", "Long.compare",
+        "Long.max", "Long.min", "Long.bitCount", "Math.max", "Math.min", "Math.abs", "Math.floorDiv",
+        "Math.floorMod");
     private static final Pattern OF_A_CLASS = Pattern.compile("\\b([A-Z]\\w*[a-z]\\w*)\\s*\\.\\s*(\\w+)");
 
     public static void main(String[] args) throws IOException {
@@ -96,9 +98,9 @@ public final class FaceTest {
 
     private static void theText() throws IOException {
         List<String> lines = Files.readAllLines(Path.of("src/main/java/StackHost.java"));
-        String[] never = {"->", "::", "finally", "synchronized", "assert ", "Float.", "Double.", "Exact(", "getMessage",
-            "printStackTrace", "System.out", "System.nano", "System.current", "Object ", "hashCode", "toString", "static {",
-            "float ", "double ", "String "};
+        String[] never = {"->", "::", "finally", "synchronized", "assert ", "Float.", "Double.", "Exact(",
+            "getMessage", "printStackTrace", "System.out", "System.nano", "System.current", "Object ", "hashCode",
+            "toString", "static {", "float ", "double ", "String "};
         for (String line : lines) {
             for (String word : never) {
                 boolean isComment = line.trim().startsWith("*") || line.trim().startsWith("/");

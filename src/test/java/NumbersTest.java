@@ -90,7 +90,8 @@ public final class NumbersTest {
             return type == F ? bits & MASK : bits;
         }
         // Numbers of like size, often with few bits, so that sums cancel and halves come up.
-        double d = (bits >> RANDOM.nextInt(63)) * Math.pow(2, RANDOM.nextInt(way == 1 ? 140 : 12) - (way == 1 ? 140 : 6));
+        int power = RANDOM.nextInt(way == 1 ? 140 : 12) - (way == 1 ? 140 : 6);
+        double d = (bits >> RANDOM.nextInt(63)) * Math.pow(2, power);
         if (way == 2) {
             d = (RANDOM.nextInt(400) - 200) * 0.25;
         }

@@ -3,9 +3,9 @@ import java.lang.management.ManagementFactory;
 import java.util.Arrays;
 
 /**
- * Part 7 of the terms: what a whole script makes stays small. All calls of one run live in one room of some 7.3 million
- * fields and elements and 600,000 objects; each of the former takes a byte at least, each of the latter sixteen, so that
- * a script that makes fewer than 7.3 million bytes in all keeps to both.
+ * Part 7 of the terms: what a whole script makes stays small. All calls of one run live in one room of some 7.3
+ * million fields and elements and 600,000 objects; each of the former takes a byte at least, each of the latter
+ * sixteen, so that a script that makes fewer than 7.3 million bytes in all keeps to both.
  */
 public final class RoomTest {
     private static final long ROOM = 7300000;
